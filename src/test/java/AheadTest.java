@@ -1,0 +1,313 @@
+/** Promises 17 to 23: what would be, the plan, and what was thought when. */
+public final class AheadTest {
+    private static final Check CHECK = new Check("ahead");
+
+    public static void main(String[] args) {
+        besideRefuses();
+        besideIsWhatComes();
+        planRefuses();
+        planOfOne();
+        planOfTwo();
+        planOfLikeRows();
+        planIsKept();
+        settle();
+        estimates();
+        expects();
+        expectsOfKinds();
+        misses();
+        missesByTheLoad();
+        CHECK.end();
+    }
+
+    private static void besideRefuses() {
+        WingPort x = new WingPort();
+        CHECK.due("beside(0, 0)", x.beside(0, 0), WingPort.BAD);
+        CHECK.due("beside(201, 0)", x.beside(201, 0), WingPort.BAD);
+        CHECK.due("beside(-5, 0)", x.beside(-5, 0), WingPort.BAD);
+        CHECK.due("beside(1, 5)", x.beside(1, 5), WingPort.BAD);
+        CHECK.due("beside(1, -1)", x.beside(1, -1), WingPort.BAD);
+        CHECK.due("beside(200, 4)", x.beside(200, 4), 0);
+        Ports.runTill(x, 9900);
+        CHECK.due("to 9999", x.beside(99, 0), 0);
+        CHECK.due("beyond", x.beside(100, 0), WingPort.FULL);
+        CHECK.due("bad, ahead of beyond", x.beside(100, 5), WingPort.BAD);
+    }
+
+    private static WingPort busyPort() {
+        WingPort x = Ports.with(1, 1, 3, 2);
+        x.set(6, 1);
+        x.set(7, 1);
+        x.visit(0, 0, 30, 35);
+        x.visit(1, 1, 40, 99);
+        x.visit(3, 2, 50, 99);
+        x.visit(5, 3, 40, 30);
+        x.feed(3, 0, 9, 10);
+        x.feed(0, 2, 4, 70);
+        x.feed(1, 0, 2, 5);
+        return x;
+    }
+
+    private static void besideIsWhatComes() {
+        int[] told = {8, 7, 6, 9, 10};
+        for (int n = 1; n <= 200; n += 13) {
+            WingPort x = busyPort();
+            x.run(20);
+            String before = Ports.picture(x);
+            int[] outcome = new int[5];
+            for (int what = 0; what < 5; what++) {
+                outcome[what] = x.beside(n, what);
+            }
+            CHECK.holds("nothing changes in " + n, before.equals(Ports.picture(x)));
+            x.run(n);
+            CHECK.due("late ticks in " + n, outcome[0], x.count(told[0]));
+            int gone = 0;
+            int went = 0;
+            for (int v = 0; v < 4; v++) {
+                gone += x.visitTold(v, 1) == 7 ? 1 : 0;
+                went += x.visitTold(v, 1) == 8 ? 1 : 0;
+            }
+            CHECK.due("GONE in " + n, outcome[1], gone);
+            CHECK.due("WENT in " + n, outcome[2], went);
+            CHECK.due("missed in " + n, outcome[3], x.count(told[3]));
+            CHECK.due("spare in " + n, outcome[4], x.count(told[4]));
+        }
+        WingPort x = busyPort();
+        CHECK.due("GONE in 200", x.beside(200, 1), 3);
+        CHECK.due("WENT in 200", x.beside(200, 2), 1);
+        CHECK.due("spare in 200", x.beside(200, 4), 0);
+    }
+
+    private static void planRefuses() {
+        WingPort x = Ports.with(1, 1, 3);
+        x.visit(0, 0, 60, 99);
+        x.visit(0, 20, 60, 99);
+        x.visit(3, 20, 60, 99);
+        x.run(3);
+        CHECK.due("none", x.plan(0, 5), WingPort.NONE);
+        CHECK.due("no such one", x.plan(8, 5), WingPort.NONE);
+        CHECK.due("no such one, of many", x.plan(15, 99), WingPort.NONE);
+        CHECK.due("the highest bit", x.plan(Integer.MIN_VALUE, 5), WingPort.NONE);
+        CHECK.due("all bits", x.plan(-1, 5), WingPort.NONE);
+        CHECK.due("three", x.plan(7, 5), WingPort.BAD);
+        CHECK.due("0 ticks", x.plan(6, 0), WingPort.BAD);
+        CHECK.due("41 ticks", x.plan(6, 41), WingPort.BAD);
+        CHECK.due("41 ticks for one that stands", x.plan(3, 41), WingPort.BAD);
+        CHECK.due("one lands", x.plan(3, 5), WingPort.STATE);
+        CHECK.due("no plan", x.planned(1), WingPort.STATE);
+        CHECK.due("two", x.plan(6, 40), 0);
+        WingPort y = new WingPort();
+        y.visit(0, 0, 9999, 99);
+        Ports.runTill(y, 59);
+        CHECK.due("holds", y.plan(1, 1), 0);
+        y.visit(0, 9998, 9999, 99);
+        Ports.runTill(y, 9960);
+        CHECK.due("to 9999", y.plan(2, 39), 0);
+        CHECK.due("beyond", y.plan(2, 40), WingPort.FULL);
+        CHECK.due("one went, and beyond", y.plan(1, 40), WingPort.STATE);
+    }
+
+    /**
+     * Some PLANES with time come first, then a WIDE, then a SHUTTLE, with small stands for the PLANES
+     * and a large one. If a PLANE stands on the large one, the WIDE holds, late in each tick as it is
+     * anyhow, and the SHUTTLE finds a small one and is soon gone.
+     */
+    private static WingPort tightPort(int planes) {
+        WingPort x = Ports.with(3);
+        x.set(8, 2);
+        Ports.rule(x, "prio 0; sep 0; hold 0;");
+        for (int v = 0; v < planes; v++) {
+            x.stand(1);
+            x.visit(0, 0, 300, 999);
+        }
+        x.stand(3);
+        x.visit(3, planes - 1, 10, 999);
+        x.visit(4, 2, 3, 999);
+        return x;
+    }
+
+    private static void planOfOne() {
+        WingPort x = tightPort(1);
+        // The WIDE is late from 10 to 39, the SHUTTLE from 3 to 39.
+        CHECK.due("as it is told", x.beside(40, 0), 30 + 37);
+        // The SHUTTLE lands at 2, stands at 8, is loaded at 22, pushed at 25 and leaves at 29.
+        CHECK.due("the PLANE on the large stand", x.plan(1, 40), 30 + 26);
+        CHECK.due("it is planned", x.planned(0), 1);
+        CHECK.due("it isn't told yet", x.visitTold(0, 9), -1);
+        CHECK.due("nor done yet", x.beside(40, 0), 67);
+        CHECK.due("it is settled", x.settle(), 1);
+        CHECK.due("it is told", x.visitTold(0, 9), 1);
+        CHECK.due("as it was planned", x.beside(40, 0), 56);
+        CHECK.due("ahead of what it mends", x.plan(1, 25), 15 + 22);
+        CHECK.due("the first of like ones is none, whatever it wishes", x.planned(0), -1);
+    }
+
+    private static void planOfTwo() {
+        WingPort x = tightPort(1);
+        CHECK.due("with the WIDE", x.plan(3, 40), 56);
+        CHECK.due("the PLANE on the large stand", x.planned(0), 1);
+        CHECK.due("the WIDE has no wish", x.planned(1), -1);
+        CHECK.due("with the SHUTTLE", x.plan(5, 40), 56);
+        CHECK.due("the SHUTTLE has no wish", x.planned(2), -1);
+        CHECK.due("two wishes", x.settle(), 2);
+        WingPort y = tightPort(1);
+        CHECK.due("a WIDE can't wish the small stand", y.plan(2, 40), 67);
+        y.wish(0, 1);
+        CHECK.due("other wishes are as told", y.plan(6, 40), 56);
+    }
+
+    private static void planOfLikeRows() {
+        WingPort x = tightPort(2);
+        CHECK.due("as it is told", x.beside(40, 0), 67);
+        CHECK.due("either PLANE on the large stand", x.plan(3, 40), 56);
+        CHECK.due("the first row: none for the first", x.planned(0), -1);
+        CHECK.due("and the large stand for the other", x.planned(1), 2);
+    }
+
+    private static void planIsKept() {
+        WingPort x = Ports.with(1, 1, 2, 3);
+        x.visit(1, 20, 60, 99);
+        x.visit(3, 20, 60, 99);
+        x.visit(0, 5, 60, 99);
+        CHECK.due("nothing was kept", x.planned(0), WingPort.STATE);
+        CHECK.due("a plan", x.plan(5, 10), 0);
+        CHECK.due("it is in it", x.planned(0), -1);
+        CHECK.due("it isn't in it", x.planned(1), WingPort.STATE);
+        CHECK.due("no such visit", x.planned(3), WingPort.STATE);
+        CHECK.due("no such visit below", x.planned(-1), WingPort.STATE);
+        CHECK.due("no such visit far above", x.planned(32), WingPort.STATE);
+        x.plan(7, 10);
+        CHECK.due("a refused one isn't kept", x.planned(2), -1);
+        CHECK.due("the next one", x.plan(2, 10), 0);
+        CHECK.due("is kept instead", x.planned(0), WingPort.STATE);
+        CHECK.due("with its one", x.planned(1), -1);
+        CHECK.due("one wish", x.settle(), 1);
+        CHECK.due("and again", x.settle(), 1);
+    }
+
+    private static void settle() {
+        WingPort x = Ports.with(1, 1, 2, 3);
+        x.visit(1, 5, 60, 99);
+        x.visit(3, 90, 160, 99);
+        x.wish(0, 2);
+        x.wish(1, 2);
+        CHECK.due("there is no plan", x.settle(), 0);
+        CHECK.due("wishes stay", x.visitTold(0, 9), 2);
+        x.plan(3, 20);
+        x.run(5);
+        CHECK.due("due", x.settle(), 2);
+        CHECK.due("wish of none", x.visitTold(1, 9), -1);
+        x.wish(1, 2);
+        x.run(1);
+        CHECK.due("one lands", x.settle(), WingPort.STATE);
+        CHECK.due("nothing is settled", x.visitTold(1, 9), 2);
+    }
+
+    private static void estimates() {
+        WingPort x = new WingPort();
+        x.visit(0, 10, 20, 99);
+        CHECK.due("estimate(1, 0)", x.estimate(1, 0), WingPort.NONE);
+        CHECK.due("estimate(-1, -1)", x.estimate(-1, -1), WingPort.NONE);
+        CHECK.due("estimate(0, -1)", x.estimate(0, -1), WingPort.BAD);
+        CHECK.due("estimate(0, 10000)", x.estimate(0, 10000), WingPort.BAD);
+        for (int e = 0; e < 40; e++) {
+            CHECK.due("estimate " + e, x.estimate(0, e == 0 ? 9999 : e == 1 ? 0 : e), e);
+        }
+        CHECK.due("the next", x.estimate(0, 5), WingPort.FULL);
+        CHECK.due("a bad next", x.estimate(0, -1), WingPort.BAD);
+        CHECK.due("count(7)", x.count(7), 40);
+        CHECK.due("it changes nothing in the port", x.visitTold(0, 4), 10);
+        WingPort y = Ports.with(1, 1);
+        y.visit(0, 10, 60, 99);
+        y.estimate(0, 3);
+        y.run(11);
+        CHECK.due("it lands at its eta", y.visitTold(0, 2), 10);
+        CHECK.due("also of one that landed", y.estimate(0, 500), 1);
+    }
+
+    private static void expects() {
+        WingPort x = new WingPort();
+        x.visit(0, 10, 20, 99);
+        CHECK.due("expects(1, 0)", x.expects(1, 0), WingPort.NONE);
+        CHECK.due("expects(-1, 1)", x.expects(-1, 1), WingPort.NONE);
+        CHECK.due("expects(0, 1)", x.expects(0, 1), WingPort.BAD);
+        CHECK.due("expects(0, -1)", x.expects(0, -1), WingPort.BAD);
+        // 2 + 4 to the stand; 2 + 6 + (4 + 4) + 8 + 3 on it
+        CHECK.due("by its eta", x.expects(0, 0), 10 + 6 + 27);
+        x.late(0, 300);
+        CHECK.due("what it is late isn't thought", x.expects(0, 0), 43);
+        x.run(5);
+        x.estimate(0, 100);
+        CHECK.due("ahead of the telling", x.expects(0, 4), 43);
+        CHECK.due("at the telling", x.expects(0, 5), 133);
+        x.estimate(0, 50);
+        CHECK.due("the latest of one tick", x.expects(0, 5), 83);
+        x.run(5);
+        x.visit(0, 10, 200, 99);
+        x.estimate(1, 12);
+        x.estimate(0, 0);
+        CHECK.due("the one told by then", x.expects(0, 9), 83);
+        CHECK.due("told later", x.expects(0, 10), 33);
+        CHECK.due("not ahead of etd", x.expects(1, 10), 200);
+        x.estimate(1, 9999);
+        CHECK.due("far off", x.expects(1, 10), 9999 + 33);
+        CHECK.due("what the other one's is", x.expects(0, 10), 33);
+    }
+
+    private static void expectsOfKinds() {
+        WingPort x = new WingPort();
+        int[] ways = {27, 35, 24, 57, 17, 67};
+        int[] rolls = {2, 2, 2, 3, 2, 3};
+        int[] ice = {6, 6, 6, 12, 6, 12};
+        for (int kind = 0; kind < 6; kind++) {
+            x.visit(kind, 1000, 1001, 9);
+            CHECK.due("expects of kind " + kind, x.expects(kind, 0), 1000 + rolls[kind] + 4 + ways[kind]);
+        }
+        x.set(6, 1);
+        for (int kind = 0; kind < 6; kind++) {
+            CHECK.due("cold: of kind " + kind, x.expects(kind, 0), 1000 + rolls[kind] + 4 + ways[kind] + ice[kind]);
+        }
+    }
+
+    private static void misses() {
+        WingPort x = new WingPort();
+        x.visit(1, 10, 200, 99);
+        x.visit(0, 10, 100, 99);
+        x.visit(2, 20, 100, 99);
+        x.feed(0, 1, 5, 69);
+        x.feed(2, 1, 7, 63);
+        x.feed(1, 0, 50, 99);
+        CHECK.due("misses(3, 0)", x.misses(3, 0), WingPort.NONE);
+        CHECK.due("misses(-1, 1)", x.misses(-1, 1), WingPort.NONE);
+        CHECK.due("misses(1, 1)", x.misses(1, 1), WingPort.BAD);
+        CHECK.due("misses(1, -1)", x.misses(1, -1), WingPort.BAD);
+        // etd less 3 is 97: 10 + 6 + 12 + 69 is 97, 20 + 6 + 8 + 63 is 97
+        CHECK.due("all just come", x.misses(1, 0), 0);
+        x.estimate(0, 11);
+        CHECK.due("a JET a tick later", x.misses(1, 0), 5);
+        x.run(1);
+        x.estimate(2, 21);
+        CHECK.due("the PROP is not told yet", x.misses(1, 0), 5);
+        CHECK.due("all are missed", x.misses(1, 1), 12);
+        CHECK.due("to another one", x.misses(0, 1), 0);
+        CHECK.due("to none", x.misses(2, 1), 0);
+    }
+
+    private static void missesByTheLoad() {
+        WingPort x = new WingPort();
+        x.visit(1, 10, 200, 99);
+        x.visit(0, 100, 101, 99);
+        x.feed(0, 1, 5, 99);
+        x.set(6, 1);
+        // its own LOAD ends at 100 + 6 + 24: the bags of a JET with eta e come at e + 6 + 12 + 99
+        x.estimate(0, 13);
+        CHECK.due("at the end of LOAD", x.misses(1, 0), 0);
+        x.estimate(0, 14);
+        CHECK.due("behind the end of LOAD", x.misses(1, 0), 5);
+        x.estimate(1, 101);
+        CHECK.due("it is thought to come later itself", x.misses(1, 0), 0);
+        x.run(200);
+        CHECK.due("whatever became of the feed", x.misses(1, 200), 0);
+        x.estimate(1, 5);
+        CHECK.due("whatever became of it", x.misses(1, 200), 5);
+    }
+}

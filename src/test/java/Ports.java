@@ -1,0 +1,84 @@
+/** Ports as the tests begin with them, and texts fed to them. */
+final class Ports {
+    private Ports() {
+    }
+
+    /** A port with so many trucks of each sort and stands of such sizes. */
+    static WingPort with(int trucks, int... sizes) {
+        WingPort x = new WingPort();
+        for (int size : sizes) {
+            x.stand(size);
+        }
+        for (int sort = 0; sort < 5; sort++) {
+            x.set(sort, trucks);
+        }
+        return x;
+    }
+
+    /** Puts a text behind the tape: what the last feedTape answered. */
+    static int tape(WingPort x, String text) {
+        int answer = 0;
+        for (int i = 0; i < text.length(); i += 8) {
+            int n = Math.min(8, text.length() - i);
+            long w = 0;
+            for (int k = 0; k < n; k++) {
+                w = w << 8 | text.charAt(i + k);
+            }
+            answer = x.feedTape(w, n);
+        }
+        return answer;
+    }
+
+    static int text(WingPort x, String text) {
+        tape(x, text);
+        return x.text();
+    }
+
+    /** Reads a text and makes it the rule. */
+    static void rule(WingPort x, String text) {
+        int number = text(x, text);
+        if (number < 0) {
+            throw new IllegalArgumentException(text + ": " + number);
+        }
+        x.force(number);
+    }
+
+    /** Runs till TICK is so. */
+    static void runTill(WingPort x, int tick) {
+        while (x.count(0) < tick) {
+            x.run(Math.min(200, tick - x.count(0)));
+        }
+    }
+
+    /** All that a port tells of itself, as one row of numbers: what a refusal must not change. */
+    static String picture(WingPort x) {
+        StringBuilder all = new StringBuilder();
+        for (int what = 0; what < 14; what++) {
+            all.append(x.count(what)).append(' ');
+        }
+        for (int v = 0; v < 12; v++) {
+            for (int what = 0; what < 11; what++) {
+                all.append(x.visitTold(v, what)).append(' ');
+            }
+            for (int c = 0; c < 9; c++) {
+                all.append(x.cause(v, c)).append(' ');
+            }
+            all.append(x.planned(v)).append(' ').append(x.expects(v, 0)).append(' ');
+        }
+        for (int f = 0; f < 16; f++) {
+            for (int what = 0; what < 5; what++) {
+                all.append(x.feedTold(f, what)).append(' ');
+            }
+        }
+        for (int s = 0; s < 6; s++) {
+            all.append(x.standTold(s, 0)).append(' ').append(x.standTold(s, 1)).append(' ');
+        }
+        for (int r = 0; r < 2; r++) {
+            all.append(x.runwayTold(r, 0)).append(' ').append(x.runwayTold(r, 1)).append(' ');
+        }
+        for (int sort = 0; sort < 5; sort++) {
+            all.append(x.trucks(sort, 0)).append(' ').append(x.trucks(sort, 1)).append(' ');
+        }
+        return all.toString();
+    }
+}
