@@ -640,7 +640,7 @@ public final class WingPort {
         }
 
         int limit() {
-            return comes() + crew;
+            return eta + late + crew;
         }
 
         /** Whether its wish may still be told. */
@@ -702,6 +702,7 @@ public final class WingPort {
 
     /** Bags that go from one visit to another. */
     static final class Feed {
+        /** States: ahead of THERE it is still on its way. */
         static final int IN_PLANE = 0, ON_CART = 1, THERE = 2, MISSED = 3;
 
         int from, to, bags, cart, state;
@@ -723,10 +724,6 @@ public final class WingPort {
             cart = x.cart;
             state = x.state;
             comes = x.comes;
-        }
-
-        boolean isOpen() {
-            return state == IN_PLANE || state == ON_CART;
         }
 
         int told(int what) {
@@ -989,7 +986,7 @@ public final class WingPort {
         }
 
         private void carry(Feed y) {
-            if (!y.isOpen()) {
+            if (y.state >= Feed.THERE) {
                 return;
             }
             Visit to = visits[y.to];
@@ -1074,7 +1071,7 @@ public final class WingPort {
         private int openFeeds(int v) {
             int open = 0;
             for (int f = 0; f < feedCount; f++) {
-                if (feeds[f].to == v && feeds[f].isOpen()) {
+                if (feeds[f].to == v && feeds[f].state < Feed.THERE) {
                     open++;
                 }
             }
