@@ -161,6 +161,10 @@ public final class AheadTest {
         CHECK.due("either PLANE on the large stand", x.plan(3, 40), 56);
         CHECK.due("the first row: none for the first", x.planned(0), -1);
         CHECK.due("and the large stand for the other", x.planned(1), 2);
+        WingPort y = Ports.with(1, 1, 1, 1, 1, 1, 1);
+        y.visit(0, 5, 60, 99);
+        y.visit(0, 5, 60, 99);
+        CHECK.due("among six stands", y.plan(3, 40), 0);
     }
 
     private static void planIsKept() {

@@ -141,6 +141,10 @@ public final class PortTest {
     }
 
     private static void wishes() {
+        WingPort small = Ports.with(1, 1);
+        small.visit(0, 5, 50, 10);
+        CHECK.due("stand 0", small.wish(0, 0), 6);
+        CHECK.due("was stand 0", small.wish(0, -1), 0);
         WingPort x = Ports.with(1, 1, 2, 3);
         x.visit(1, 5, 50, 10);
         CHECK.due("wish(1, 0)", x.wish(1, 0), WingPort.NONE);

@@ -46,7 +46,10 @@ final class Ports {
     /** Runs till TICK is so. */
     static void runTill(WingPort x, int tick) {
         while (x.count(0) < tick) {
-            x.run(Math.min(200, tick - x.count(0)));
+            int before = x.count(0);
+            if (x.run(Math.min(200, tick - before)) <= before) {
+                throw new IllegalStateException("TICK stays at " + before);
+            }
         }
     }
 
