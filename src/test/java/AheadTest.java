@@ -5,6 +5,7 @@ public final class AheadTest {
     public static void main(String[] args) {
         besideRefuses();
         besideIsWhatComes();
+        besideCarriesAll();
         planRefuses();
         planOfOne();
         planOfTwo();
@@ -75,6 +76,37 @@ public final class AheadTest {
         CHECK.due("GONE in 200", x.beside(200, 1), 3);
         CHECK.due("WENT in 200", x.beside(200, 2), 1);
         CHECK.due("spare in 200", x.beside(200, 4), 0);
+    }
+
+    /** What is told and under way counts beside, too: lateness, carts, stands, ice and the runways' last. */
+    private static void besideCarriesAll() {
+        WingPort x = coldPort();
+        for (int from = 0; from < 120; from += 7) {
+            Ports.runTill(x, from);
+            for (int n : new int[] {1, 20, 60, 150}) {
+                WingPort y = coldPort();
+                Ports.runTill(y, from + n);
+                int left = 0;
+                for (int v = 0; v < 3; v++) {
+                    left += y.visitTold(v, 1) == 7 ? 1 : 0;
+                }
+                CHECK.due("late ticks from " + from + " in " + n, x.beside(n, 0), y.count(8));
+                CHECK.due("GONE from " + from + " in " + n, x.beside(n, 1), left);
+                CHECK.due("missed from " + from + " in " + n, x.beside(n, 3), y.count(9));
+            }
+        }
+    }
+
+    private static WingPort coldPort() {
+        WingPort x = Ports.with(2, 1, 1, 2);
+        x.set(6, 1);
+        Ports.rule(x, "prio 0; sep prev * 9; hold 60;");
+        x.visit(1, 0, 2, 999);
+        x.visit(0, 0, 60, 999);
+        x.visit(0, 1, 70, 999);
+        x.late(2, 12);
+        x.feed(1, 2, 5, 20);
+        return x;
     }
 
     private static void planRefuses() {
@@ -161,6 +193,9 @@ public final class AheadTest {
         CHECK.due("either PLANE on the large stand", x.plan(3, 40), 56);
         CHECK.due("the first row: none for the first", x.planned(0), -1);
         CHECK.due("and the large stand for the other", x.planned(1), 2);
+        CHECK.due("the other PLANE alone", x.plan(2, 40), 56);
+        CHECK.due("its wish", x.planned(1), 2);
+        CHECK.due("the first isn't in it", x.planned(0), WingPort.STATE);
         WingPort y = Ports.with(1, 1, 1, 1, 1, 1, 1);
         y.visit(0, 5, 60, 99);
         y.visit(0, 5, 60, 99);

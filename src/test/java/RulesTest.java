@@ -142,6 +142,8 @@ public final class RulesTest {
         fault("prio 1 12345;", 7);
         fault("prio 1 + 99999999999999999999;", 9);
         fault("prio waits;", 5);
+        fault("prio waitz;", 5);
+        fault("prio await;", 5);
         fault("prio i;", 5);
         fault("prio a;", 5);
         fault("prio 1 x;", 7);
@@ -162,7 +164,7 @@ public final class RulesTest {
 
     private static void textIsTaken() {
         WingPort x = new WingPort();
-        Ports.tape(x, "prio 1;");
+        Ports.tape(x, "prio 9;");
         CHECK.due("too early", x.text(), -107);
         CHECK.due("the tape is empty behind a fault", x.count(6), 0);
         CHECK.due("the next stands alone", Ports.text(x, "prio 1;sep 2;hold 3;"), 1);

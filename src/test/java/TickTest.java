@@ -28,6 +28,10 @@ public final class TickTest {
         icedLongAgo();
         icerIsBusy();
         coldComesLater();
+        coldComesSoon();
+        holdsForARunway();
+        holdOfTheVisit();
+        fullPort();
         CHECK.end();
     }
 
@@ -396,6 +400,10 @@ public final class TickTest {
         Ports.runTill(y, 31);
         CHECK.due("pushed at its limit", y.visitTold(0, 8), 128);
         CHECK.due("by its own crew", y.count(10), 1);
+        WingPort u = Ports.with(1, 1);
+        u.visit(0, 0, 20, 30);
+        Ports.runTill(u, 31);
+        CHECK.due("at its limit, though there is no spare crew", u.visitTold(0, 8), 128);
         WingPort z = Ports.with(1, 1);
         z.visit(0, 0, 20, 29);
         z.set(7, 1);
@@ -522,5 +530,63 @@ public final class TickTest {
         tells("the one that lands goes ahead", y, 1, 3, 46);
         tells("the other behind it", y, 0, 6, 49);
         causes("runway", y, 0, WORK, 4, RUNWAY, 5);
+    }
+
+    private static void coldComesSoon() {
+        WingPort x = Ports.with(1, 1);
+        x.visit(0, 0, 10, 999);
+        Ports.runTill(x, 35);
+        tells("waits", x, 0, 5, 33);
+        x.set(6, 1);
+        x.run(1);
+        CHECK.due("done at once, so it wasn't iced", x.visitTold(0, 8), 64);
+    }
+
+    private static void holdsForARunway() {
+        WingPort x = Ports.with(1, 2, 1);
+        Ports.rule(x, "prio 0; sep 9; hold 0;");
+        x.visit(0, 0, 200, 999);
+        x.visit(1, 0, 2, 999);
+        x.run(7);
+        causes("stand 0 is free", x, 1, RUNWAY, 5);
+    }
+
+    /** What hold says of the one that waits, not of another. */
+    private static void holdOfTheVisit() {
+        WingPort x = Ports.with(9, 1, 3, 3);
+        x.set(8, 2);
+        Ports.rule(x, "prio 0; sep 0; hold kind * 5 + (prev + 1) * 100;");
+        x.visit(1, 1, 300, 999);
+        x.visit(2, 0, 24, 999);
+        x.visit(3, 90, 300, 999);
+        x.feed(0, 1, 5, 99);
+        Ports.runTill(x, 34);
+        CHECK.due("held for 10", x.visitTold(1, 8), 0);
+        x.run(1);
+        CHECK.due("and no longer", x.visitTold(1, 8), 32);
+    }
+
+    private static void fullPort() {
+        WingPort x = Ports.with(2, 1, 1, 2, 2, 3, 3);
+        x.set(8, 2);
+        x.set(7, 9);
+        for (int v = 0; v < 12; v++) {
+            x.visit(v % 6, v * 5, v * 5 + 45, 60);
+        }
+        for (int f = 0; f < 16; f++) {
+            x.feed(f % 12, (f + 1 + f / 12) % 12, 1 + f, 3);
+        }
+        CHECK.due("a plan in a full port", x.plan(1 << 10 | 1 << 11, 40), x.beside(40, 0));
+        int late = x.beside(200, 0);
+        int gone = x.beside(200, 1);
+        int missed = x.beside(200, 3);
+        x.run(200);
+        CHECK.due("late ticks as beside", x.count(8), late);
+        CHECK.due("missed as beside", x.count(9), missed);
+        CHECK.due("all are gone", gone, 12);
+        CHECK.due("no truck is busy", x.trucks(0, 1) + x.trucks(1, 1) + x.trucks(2, 1) + x.trucks(3, 1), 0);
+        for (int s = 0; s < 6; s++) {
+            CHECK.due("stand " + s + " is free", x.standTold(s, 1), -1);
+        }
     }
 }
