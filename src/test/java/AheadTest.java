@@ -6,6 +6,7 @@ public final class AheadTest {
         besideRefuses();
         besideIsWhatComes();
         besideCarriesAll();
+        besideCarriesEach();
         planRefuses();
         planOfOne();
         planOfTwo();
@@ -95,6 +96,25 @@ public final class AheadTest {
                 CHECK.due("missed from " + from + " in " + n, x.beside(n, 3), y.count(9));
             }
         }
+    }
+
+    /** A visit alone, of which one thing that was told or has come counts. */
+    private static void besideCarriesEach() {
+        WingPort x = Ports.with(1, 1);
+        x.visit(0, 0, 10, 999);
+        x.late(0, 12);
+        // comes at 12, is pushed till 45, leaves at 49
+        CHECK.due("what it is late", x.beside(60, 0), 39);
+        WingPort y = Ports.with(1, 1);
+        y.visit(0, 0, 10, 999);
+        y.visit(0, 20, 30, 999);
+        y.run(20);
+        CHECK.due("the stand that it leaves to another", y.beside(100, 1), 2);
+        WingPort z = Ports.with(1, 1);
+        z.set(6, 1);
+        z.visit(0, 0, 72, 999);
+        z.run(50);
+        CHECK.due("when it was iced", z.beside(60, 0), 4);
     }
 
     private static WingPort coldPort() {

@@ -144,6 +144,8 @@ public final class RulesTest {
         fault("prio waits;", 5);
         fault("prio waitz;", 5);
         fault("prio await;", 5);
+        fault("prio xn;", 5);
+        fault("brio 1;", 0);
         fault("prio i;", 5);
         fault("prio a;", 5);
         fault("prio 1 x;", 7);
