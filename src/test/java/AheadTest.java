@@ -11,8 +11,13 @@ public final class AheadTest {
         planOfOne();
         planOfTwo();
         planOfLikeRows();
+        planOfTooSmall();
+        planOfNothing();
+        planOfTheLast();
+        planChangesNothing();
         planIsKept();
         settle();
+        settleOfStates();
         estimates();
         expects();
         expectsOfKinds();
@@ -115,6 +120,14 @@ public final class AheadTest {
         z.visit(0, 0, 72, 999);
         z.run(50);
         CHECK.due("when it was iced", z.beside(60, 0), 4);
+        WingPort u = Ports.with(1, 1, 1);
+        u.visit(0, 0, 30, 999);
+        u.visit(0, 0, 200, 999);
+        u.visit(0, 20, 50, 999);
+        u.wish(0, 1);
+        u.run(20);
+        // stand 1 is free from 33 on: the third comes to it, and is gone in time
+        CHECK.due("which stand it leaves to another", u.beside(100, 1), 2);
     }
 
     private static WingPort coldPort() {
@@ -222,6 +235,87 @@ public final class AheadTest {
         CHECK.due("among six stands", y.plan(3, 40), 0);
     }
 
+    /**
+     * A PLANE lands, and behind it a SHUTTLE may for long not land but behind a JET. There is a stand for
+     * the JET too, but it is too small.
+     */
+    private static WingPort smallPort() {
+        WingPort x = Ports.with(3, 1, 1, 1);
+        Ports.rule(x, "prio kind = 1; sep (prev = 0) * (kind = 4) * 35; hold 0;");
+        x.visit(0, 0, 300, 999);
+        x.visit(1, 1, 300, 999);
+        x.visit(4, 1, 9, 999);
+        return x;
+    }
+
+    private static void planOfTooSmall() {
+        WingPort x = smallPort();
+        // the SHUTTLE is late from 9 to 39: it lands at 37
+        CHECK.due("as it is told", x.beside(40, 0), 31);
+        CHECK.due("the JET can wish none", x.plan(2, 40), 31);
+        CHECK.due("it wishes none", x.planned(1), -1);
+        CHECK.due("nor as the other one of two", x.plan(3, 40), 31);
+        CHECK.due("it wishes none of two", x.planned(1), -1);
+        CHECK.due("nor as the first one of two", x.plan(6, 40), 31);
+        CHECK.due("it wishes none, the first of two", x.planned(1), -1);
+        x.stand(2);
+        // now the JET lands at 2 and the SHUTTLE at 4, and it would be gone at 33
+        CHECK.due("with a stand of its size", x.plan(2, 40), 22);
+        CHECK.due("that is so with no wish", x.planned(1), -1);
+    }
+
+    /** With no stand there is one row: all wish none. */
+    private static void planOfNothing() {
+        WingPort x = new WingPort();
+        x.visit(0, 0, 5, 999);
+        x.visit(0, 9, 12, 999);
+        x.run(8);
+        CHECK.due("late already", x.count(8), 3);
+        for (int n = 1; n <= 40; n++) {
+            int late = 3 + n + Math.max(0, n - 4);
+            CHECK.due("one in " + n, x.plan(1, n), late);
+            CHECK.due("the other in " + n, x.plan(2, n), late);
+            CHECK.due("two in " + n, x.plan(3, n), late);
+        }
+        CHECK.due("their wishes", x.planned(0) + x.planned(1), -2);
+        CHECK.due("one DUE, one HOLDS", x.settle(), 2);
+    }
+
+    private static void planOfTheLast() {
+        WingPort x = Ports.with(1, 1, 3);
+        for (int v = 0; v < 12; v++) {
+            x.visit(3, 100, 300, 999);
+        }
+        CHECK.due("the twelfth", x.plan(1 << 11, 9), 0);
+        CHECK.due("is in it", x.planned(11), -1);
+        CHECK.due("the first isn't", x.planned(0), WingPort.STATE);
+        CHECK.due("the first and the twelfth", x.plan(1 << 11 | 1, 9), 0);
+        CHECK.due("the first is", x.planned(0), -1);
+        CHECK.due("the eleventh isn't", x.planned(10), WingPort.STATE);
+        x.wish(0, 1);
+        x.wish(11, 1);
+        CHECK.due("two are settled", x.settle(), 2);
+        CHECK.due("the first wishes none", x.visitTold(0, 9), -1);
+        CHECK.due("the twelfth wishes none", x.visitTold(11, 9), -1);
+    }
+
+    private static void planChangesNothing() {
+        WingPort x = tightPort(1);
+        WingPort y = tightPort(1);
+        y.plan(1, 40);
+        for (int what = 0; what < 11; what++) {
+            for (int v = 0; v < 3; v++) {
+                CHECK.due("visitTold(" + v + ", " + what + ") behind a plan", y.visitTold(v, what), x.visitTold(v, what));
+            }
+        }
+        for (int what = 0; what < 14; what++) {
+            CHECK.due("count(" + what + ") behind a plan", y.count(what), x.count(what));
+        }
+        x.run(60);
+        y.run(60);
+        CHECK.due("what comes behind a plan", y.count(8), x.count(8));
+    }
+
     private static void planIsKept() {
         WingPort x = Ports.with(1, 1, 2, 3);
         x.visit(1, 20, 60, 99);
@@ -259,6 +353,36 @@ public final class AheadTest {
         x.run(1);
         CHECK.due("one lands", x.settle(), WingPort.STATE);
         CHECK.due("nothing is settled", x.visitTold(1, 9), 2);
+    }
+
+    /** STATE: one isn't DUE, nor HOLDS any more. */
+    private static void settleOfStates() {
+        int[] ticks = {1, 3, 7, 31, 34, 38, 40};
+        int[] states = {2, 3, 4, 4, 5, 6, 7};
+        for (int i = 0; i < ticks.length; i++) {
+            WingPort x = Ports.with(1, 1, 1);
+            x.visit(0, 0, 30, 999);
+            x.visit(0, 200, 300, 999);
+            x.plan(3, 1);
+            x.wish(1, 1);
+            Ports.runTill(x, ticks[i]);
+            CHECK.due("STATE", x.visitTold(0, 1), states[i]);
+            CHECK.due("settle in STATE " + states[i], x.settle(), WingPort.STATE);
+            CHECK.due("the other's wish stays", x.visitTold(1, 9), 1);
+            CHECK.due("the plan is there still", x.planned(0), -1);
+        }
+        WingPort y = Ports.with(1, 1);
+        y.visit(1, 0, 30, 999);
+        y.visit(0, 200, 300, 999);
+        y.plan(3, 1);
+        y.wish(1, 0);
+        Ports.runTill(y, 60);
+        CHECK.due("HOLDS for 59 ticks", y.settle(), 2);
+        CHECK.due("its wish", y.visitTold(1, 9), -1);
+        y.run(1);
+        CHECK.due("WENT", y.settle(), WingPort.STATE);
+        y.plan(2, 1);
+        CHECK.due("another plan", y.settle(), 1);
     }
 
     private static void estimates() {

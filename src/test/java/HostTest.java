@@ -7,6 +7,8 @@ public final class HostTest {
         sheet();
         cell();
         narrowCells();
+        narrowEdges();
+        newRows();
         copy();
         copyOntoItself();
         copyRefuses();
@@ -88,6 +90,49 @@ public final class HostTest {
         CHECK.due("an int has all its bits", x.visits(2, 2, 0, 1), 0);
     }
 
+    /** Of bytes and shorts the lowest 8 and 16 bits: what wraps to a crew of 1 .. 999 is one. */
+    private static void narrowEdges() {
+        int[][] bytes = {{127, 127}, {128, 0}, {255, 0}, {256, 0}, {257, 1}, {383, 127}, {384, 0}, {-1, 0}, {-128, 0},
+            {-129, 127}, {-255, 1}, {-256, 0}, {Integer.MAX_VALUE, 0}, {Integer.MIN_VALUE, 0},
+            {Integer.MIN_VALUE + 1, 1}};
+        int[][] shorts = {{999, 999}, {1000, 0}, {32767, 0}, {32768, 0}, {65535, 0}, {65536, 0}, {65537, 1},
+            {66535, 999}, {66536, 0}, {-1, 0}, {-64537, 999}, {-64536, 0}, {-65535, 1}, {-65536, 0},
+            {Integer.MAX_VALUE, 0}, {Integer.MIN_VALUE, 0}, {Integer.MIN_VALUE + 1, 1}};
+        int[][] ints = {{999, 999}, {1000, 0}, {257, 257}, {65537, 0}, {-1, 0}, {Integer.MAX_VALUE, 0},
+            {Integer.MIN_VALUE, 0}, {Integer.MIN_VALUE + 1, 0}};
+        crews(0, bytes);
+        crews(1, shorts);
+        crews(2, ints);
+    }
+
+    private static void crews(int sort, int[][] rows) {
+        for (int[] row : rows) {
+            WingPort x = new WingPort();
+            x.sheet(0, sort, 4);
+            four(x, 0, 0, 0, 0, 1, row[0]);
+            int comes = row[1] > 0 ? 1 : 0;
+            CHECK.due("a crew of " + row[0] + " by sort " + sort, x.visits(0, sort, 0, 1), comes);
+            CHECK.due("its limit", x.visitTold(0, 10), comes == 1 ? row[1] : WingPort.NONE);
+        }
+    }
+
+    /** A SHEET becomes a row of n of a sort, all 0: whatever stood in each place. */
+    private static void newRows() {
+        for (int sort = 0; sort < 3; sort++) {
+            for (int place = 0; place < 40; place++) {
+                WingPort x = new WingPort();
+                x.sheet(0, 2 - sort, 40);
+                x.cell(0, place, 5);
+                x.sheet(0, sort, 40);
+                x.sheet(1, sort, 4);
+                four(x, 1, 0, 3, 0, 1, 1);
+                CHECK.due("place " + place, x.copy(0, place, 1, 0, 1), 1);
+                CHECK.due("a visit by it", x.visits(1, sort, 0, 1), 1);
+                CHECK.due("its kind", x.visitTold(0, 0), 0);
+            }
+        }
+    }
+
     private static void copy() {
         WingPort x = new WingPort();
         x.sheet(0, 2, 10);
@@ -150,6 +195,10 @@ public final class HostTest {
         CHECK.due("none from beyond", x.copy(0, 6, 2, 0, 0), OUTSIDE);
         CHECK.due("none to beyond", x.copy(0, 0, 2, 4, 0), OUTSIDE);
         CHECK.due("as many as can be", x.copy(0, 2, 2, 0, 3), 3);
+        CHECK.due("all of the lesser one", x.copy(2, 0, 0, 2, 3), 3);
+        CHECK.due("none at its end", x.copy(0, 5, 2, 3, 0), 0);
+        CHECK.due("none at its beginning", x.copy(0, 0, 2, 0, 0), 0);
+        CHECK.due("one, the last", x.copy(0, 4, 2, 2, 1), 1);
     }
 
     private static void visits() {
@@ -194,6 +243,11 @@ public final class HostTest {
         CHECK.due("of another sort", x.visits(0, 1, 0, 1), UNLIKE);
         CHECK.due("of another sort, outside", x.visits(0, 1, 99, 1), UNLIKE);
         CHECK.due("10 of them", x.visits(0, 0, 0, 10), 0);
+        CHECK.due("the last of them", x.visits(0, 0, 36, 1), 0);
+        CHECK.due("one place on", x.visits(0, 0, 37, 1), OUTSIDE);
+        CHECK.due("10 of them, one place on", x.visits(0, 0, 1, 10), OUTSIDE);
+        CHECK.due("9 of them, four places on", x.visits(0, 0, 4, 9), 0);
+        CHECK.due("10 of them, four places on", x.visits(0, 0, 4, 10), OUTSIDE);
     }
 
     private static void visitsOutside() {

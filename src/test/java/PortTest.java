@@ -18,7 +18,8 @@ public final class PortTest {
         runwayTold();
         kinds();
         trucks();
-        refusalsChangeNothing();
+        constants();
+        objectsApart();
         CHECK.end();
     }
 
@@ -96,6 +97,7 @@ public final class PortTest {
     private static void visits() {
         WingPort x = new WingPort();
         x.run(10);
+        CHECK.due("the first at TICK 0", new WingPort().visit(0, 0, 1, 1), 0);
         CHECK.due("kind 6", x.visit(6, 10, 11, 1), WingPort.BAD);
         CHECK.due("kind -1", x.visit(-1, 10, 11, 1), WingPort.BAD);
         CHECK.due("eta below TICK", x.visit(0, 9, 11, 1), WingPort.BAD);
@@ -104,8 +106,11 @@ public final class PortTest {
         CHECK.due("etd 10000", x.visit(0, 10, 10000, 1), WingPort.BAD);
         CHECK.due("crew 0", x.visit(0, 10, 11, 0), WingPort.BAD);
         CHECK.due("crew 1000", x.visit(0, 10, 11, 1000), WingPort.BAD);
+        CHECK.due("eta 9999", x.visit(0, 9999, 9999, 1), WingPort.BAD);
         CHECK.due("the least", x.visit(0, 10, 11, 1), 0);
         CHECK.due("the most", x.visit(5, 9998, 9999, 999), 1);
+        CHECK.due("the least limit", x.visitTold(0, 10), 11);
+        CHECK.due("the most limit", x.visitTold(1, 10), 9998 + 999);
         for (int v = 2; v < 12; v++) {
             CHECK.due("visit " + v, x.visit(v % 6, 20, 30, 40), v);
         }
@@ -124,7 +129,9 @@ public final class PortTest {
         CHECK.due("late(0, 999)", x.late(0, 999), 0);
         CHECK.due("comes", x.visitTold(0, 4), 1004);
         CHECK.due("limit", x.visitTold(0, 10), 1014);
-        CHECK.due("late(0, 2)", x.late(0, 2), 999);
+        CHECK.due("late(0, 0)", x.late(0, 0), 999);
+        CHECK.due("comes at its eta", x.visitTold(0, 4), 5);
+        CHECK.due("late(0, 2)", x.late(0, 2), 0);
         x.run(7);
         CHECK.due("still due", x.visitTold(0, 1), 0);
         CHECK.due("late while due", x.late(0, 2), 2);
@@ -341,32 +348,35 @@ public final class PortTest {
         }
     }
 
-    private static void refusalsChangeNothing() {
-        WingPort x = Ports.with(1, 1, 3);
-        x.visit(0, 0, 30, 99);
-        x.visit(3, 40, 90, 99);
-        x.run(7);
-        String before = Ports.picture(x);
-        x.stand(0);
-        x.set(0, 0);
-        x.set(8, 3);
-        x.visit(0, 6, 9, 9);
-        x.late(0, 5);
-        x.late(1, 1000);
-        x.wish(1, 0);
-        x.wish(0, 0);
-        x.feed(0, 1, 1, 1);
-        x.run(0);
-        x.run(201);
-        x.plan(3, 10);
-        x.plan(2, 41);
-        x.estimate(0, -1);
-        x.estimate(2, 5);
-        x.force(1);
-        x.feedTape(5, 0);
-        x.sheet(0, 0, -1);
-        x.cell(0, 0, 5);
-        x.visits(0, 0, 0, 1);
-        CHECK.holds("refusals change nothing", before.equals(Ports.picture(x)));
+    private static void constants() {
+        CHECK.due("NONE", WingPort.NONE, -1);
+        CHECK.due("BAD", WingPort.BAD, -2);
+        CHECK.due("STATE", WingPort.STATE, -3);
+        CHECK.due("FULL", WingPort.FULL, -4);
+        CHECK.due("NO", WingPort.NO, -4611686018427387904L);
+    }
+
+    /** What is told to one object isn't told to another. */
+    private static void objectsApart() {
+        WingPort x = Ports.with(3, 1, 2);
+        WingPort y = new WingPort();
+        x.set(5, 1);
+        x.visit(0, 0, 60, 99);
+        x.visit(0, 0, 60, 99);
+        x.feed(0, 1, 5, 5);
+        x.estimate(0, 9);
+        Ports.rule(x, "prio 1;sep 2;hold 3;");
+        Ports.tape(x, "prio");
+        x.sheet(0, 0, 5);
+        x.plan(1, 9);
+        x.run(9);
+        CHECK.holds("a new object beside a used one", Ports.picture(y).equals(Ports.picture(new WingPort())));
+        CHECK.due("a sheet of its own", y.cell(0, 0, 1), -11);
+        CHECK.due("a stand of its own", y.stand(3), 0);
+        CHECK.due("a visit of its own", y.visit(3, 0, 90, 9), 0);
+        CHECK.due("rules of its own", y.tells(0, 1), 2);
+        CHECK.due("a tape of its own", y.text(), -100);
+        CHECK.due("the other's stands", x.standTold(0, 0), 1);
+        CHECK.due("the other's ticks", x.count(0), 9);
     }
 }

@@ -59,7 +59,10 @@ final class Ports {
         for (int what = 0; what < 14; what++) {
             all.append(x.count(what)).append(' ');
         }
-        for (int v = 0; v < 12; v++) {
+        int visits = x.count(1);
+        int feeds = x.count(3);
+        int stands = x.count(2);
+        for (int v = 0; v < visits; v++) {
             for (int what = 0; what < 11; what++) {
                 all.append(x.visitTold(v, what)).append(' ');
             }
@@ -68,13 +71,11 @@ final class Ports {
             }
             all.append(x.planned(v)).append(' ').append(x.expects(v, 0)).append(' ');
         }
-        for (int f = 0; f < 16; f++) {
-            for (int what = 0; what < 5; what++) {
-                all.append(x.feedTold(f, what)).append(' ');
-            }
+        for (int f = 0; f < feeds; f++) {
+            all.append(x.feedTold(f, 3)).append(' ').append(x.feedTold(f, 4)).append(' ');
         }
-        for (int s = 0; s < 6; s++) {
-            all.append(x.standTold(s, 0)).append(' ').append(x.standTold(s, 1)).append(' ');
+        for (int s = 0; s < stands; s++) {
+            all.append(x.standTold(s, 1)).append(' ');
         }
         for (int r = 0; r < 2; r++) {
             all.append(x.runwayTold(r, 0)).append(' ').append(x.runwayTold(r, 1)).append(' ');

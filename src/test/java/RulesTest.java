@@ -8,6 +8,10 @@ public final class RulesTest {
         faults();
         faultsOfDepth();
         faultsOfBytes();
+        faultsOfWords();
+        faultsAheadOfSigns();
+        faultsAtTheEnd();
+        tapesAfterOthers();
         textIsTaken();
         textsAreFull();
         force();
@@ -16,6 +20,10 @@ public final class RulesTest {
         wrapping();
         names();
         namesInATick();
+        rawParts();
+        bagsByState();
+        crewAtTheLimit();
+        lateAtEtd();
         tellsRefuses();
         count();
         CHECK.end();
@@ -164,6 +172,113 @@ public final class RulesTest {
         fault("prio 1;sep 2;hold 3;$", 20);
     }
 
+    /** A WORD that is neither KEY nor NAME, where a KEY, a NAME or a sign could stand. */
+    private static void faultsOfWords() {
+        String[] words = {"x", "pri", "prioo", "se", "seq", "sepp", "hol", "held", "holds", "nor", "an", "ands", "no",
+            "note", "i", "inn", "lat", "later", "king", "kin", "weit", "pre", "preb", "fo", "fogs", "bag", "bugs",
+            "cre", "crewe", "z", "a"};
+        for (String word : words) {
+            fault(word + " 1;sep 2;hold 3;", 0);
+            fault("prio 1;" + word + " 2;hold 3;", 7);
+            fault("prio 1;sep 2;" + word + " 3;", 13);
+            fault("prio 1 " + word + " 2;sep 2;hold 3;", 7);
+            fault("prio " + word + ";sep 2;hold 3;", 5);
+            fault("prio 1 or " + word + " 1;sep 2;hold 3;", 10);
+        }
+        String[] keys = {"prio", "sep", "hold", "or", "and"};
+        for (String key : keys) {
+            fault("prio " + key + ";sep 2;hold 3;", 5);
+            fault("prio 1 + " + key + ";sep 2;hold 3;", 9);
+        }
+        fault("prio not or;sep 2;hold 3;", 9);
+        fault("hold 1;sep 2;hold 3;", 0);
+        fault("in;", 0);
+        fault("prio 1;in;", 7);
+        fault("prio 1;prio 2;", 7);
+        fault("prio 1;sep 2;sep 3;", 13);
+        fault("prio 1;sep 2;;", 13);
+        fault("prio 1 in;", 7);
+        fault("prio (1 in);", 8);
+        fault("prio (1) in;", 9);
+        fault("prio 1 (2);", 7);
+        fault("prio in(2);", 7);
+        fault("prio 1;5", 7);
+    }
+
+    /** A sign behind which nothing stands, ahead of the end of its part, of its ( and of the text. */
+    private static void faultsAheadOfSigns() {
+        String[] signs = {"or", "and", "<", "=", "+", "-", "*"};
+        for (String sign : signs) {
+            String head = "prio 1 " + sign;
+            int behind = head.length();
+            fault(head + ";sep 2;hold 3;", behind);
+            fault("prio (1 " + sign + ");sep 2;hold 3;", behind + 1);
+            fault(head, behind);
+            fault("prio " + sign, sign.equals("-") ? 6 : 5);
+            if (!sign.equals("-")) {
+                fault(head + " " + sign + " 1;sep 2;hold 3;", behind + 1);
+            }
+        }
+        fault("prio not;sep 2;hold 3;", 8);
+        fault("prio (not);sep 2;hold 3;", 9);
+        fault("prio -;sep 2;hold 3;", 6);
+        fault("prio (-);sep 2;hold 3;", 7);
+        fault("prio 1-not 1;", 7);
+        fault("prio 1 = not 1;", 9);
+        fault("prio 1*not 1;", 7);
+        fault("prio 1<2=3;", 8);
+        fault("prio 1=2<3;", 8);
+        fault("prio 1 ( 2 );", 7);
+        fault("prio ) 1;", 5);
+        fault("prio ;1;", 5);
+    }
+
+    /** The text's size, if it ends too early: wherever that is. */
+    private static void faultsAtTheEnd() {
+        String text = "prio not in*100+(wait<-2);sep 2 or 3;hold 4 and 5=6;";
+        CHECK.due(text, Ports.text(new WingPort(), text), 1);
+        int[] ends = {0, 4, 5, 8, 9, 11, 12, 15, 16, 17, 21, 22, 23, 24, 25, 26, 29, 30, 31, 32, 34, 35, 36, 37, 41, 42,
+            43, 44, 47, 48, 49, 50, 51};
+        for (int end : ends) {
+            fault(text.substring(0, end), end);
+            fault(text.substring(0, end) + " \n ", end + 3);
+        }
+    }
+
+    /** What stood on the tape before does not stand there any more, and the tape ends at 160. */
+    private static void tapesAfterOthers() {
+        WingPort x = new WingPort();
+        CHECK.due("a long word", Ports.text(x, "prio infinite;"), -105);
+        CHECK.due("the word that it began with", Ports.text(x, "prio in"), -107);
+        CHECK.due("a long number", Ports.text(x, "prio 12345;"), -105);
+        CHECK.due("the number that it began with", Ports.text(x, "prio 12"), -107);
+        CHECK.due("blanks", Ports.text(x, "prio 1 \n\n   "), -112);
+        CHECK.due("fewer blanks", Ports.text(x, "prio 1 \n"), -108);
+        CHECK.due("a fault behind a sign", Ports.text(x, "prio 1;sep 2;hold -3 4;"), -121);
+        CHECK.due("a shorter text", Ports.text(x, "prio 1;sep 2;hold 5;"), 1);
+        x.visit(0, 5, 9, 9);
+        x.force(1);
+        CHECK.due("is what it says", x.tells(0, 2), 5);
+        CHECK.due("160 letters", Ports.text(x, "a".repeat(160)), -100);
+        CHECK.due("160 digits", Ports.text(x, "prio " + "9".repeat(155)), -105);
+        CHECK.due("160 blanks", Ports.text(x, " ".repeat(160)), -260);
+        CHECK.due("a name at the end of 160", Ports.text(x, " ".repeat(153) + "prio in"), -260);
+        CHECK.due("a number at the end of 160", Ports.text(x, " ".repeat(152) + "prio 999"), -260);
+        CHECK.due("a sign at the end of 160", Ports.text(x, " ".repeat(154) + "prio -"), -260);
+        CHECK.due("a byte at the end of 160", Ports.text(x, " ".repeat(154) + "prio $"), -259);
+        CHECK.due("a text of 160", Ports.text(x, " ".repeat(140) + "prio 7;sep 8;hold 9;"), 2);
+        x.force(2);
+        CHECK.due("comes to 9", x.tells(0, 2), 9);
+        StringBuilder sum = new StringBuilder("prio 1");
+        while (sum.length() + ";sep 2;hold 3000;".length() < 159) {
+            sum.append("+1");
+        }
+        CHECK.due("a sum of 160", Ports.text(x, sum + ";sep 2;hold 3000;"), 3);
+        x.force(3);
+        CHECK.due("comes to 69", x.tells(0, 0), 69);
+        CHECK.due("and to 3000", x.tells(0, 2), 3000);
+    }
+
     private static void textIsTaken() {
         WingPort x = new WingPort();
         Ports.tape(x, "prio 9;");
@@ -277,6 +392,17 @@ public final class RulesTest {
         value("9999*9999*21+9999*4790+8416+1", Integer.MIN_VALUE);
         value("-(9999*9999*21+9999*4790+8416+1)", Integer.MIN_VALUE);
         value("9999*9999*21+9999*4790+8416+1<0", 1);
+        value("-(9999*9999*21+9999*4790+8416)-1", Integer.MIN_VALUE);
+        value("-(9999*9999*21+9999*4790+8416)-2", Integer.MAX_VALUE);
+        value("0-(9999*9999*21+9999*4790+8416+1)", Integer.MIN_VALUE);
+        value("-1*(9999*9999*21+9999*4790+8416+1)", Integer.MIN_VALUE);
+        value("(9999*9999*21+9999*4790+8416+1)*2", 0);
+        value("(9999*9999*21+9999*4790+8416)*2", -2);
+        value("(9999*9999*21+9999*4790+8416)*(9999*9999*21+9999*4790+8416)", 1);
+        value("(9999*9999*21+9999*4790+8416+1)<(9999*9999*21+9999*4790+8416)", 1);
+        value("(9999*9999*21+9999*4790+8416)<(9999*9999*21+9999*4790+8416+1)", 0);
+        value("not (9999*9999*21+9999*4790+8416+1)*2", 1);
+        value("(9999*9999*21+9999*4790+8416+1) and 1", 1);
     }
 
     private static void names() {
@@ -322,6 +448,77 @@ public final class RulesTest {
         Ports.runTill(x, 6);
         CHECK.due("a WIDE behind", x.visitTold(1, 1), 2);
         CHECK.due("tells with no runway", x.tells(1, 0), 0);
+    }
+
+    /** tells: what a part comes to, also below 0; and prev is -1, whatever has landed. */
+    private static void rawParts() {
+        WingPort x = Ports.with(1, 1);
+        Ports.rule(x, "prio -9999; sep 1 - 3; hold -1 - prev * 10;");
+        x.visit(0, 0, 300, 99);
+        x.run(3);
+        CHECK.due("the runway has a PREV", x.runwayTold(0, 1), 0);
+        CHECK.due("prio below 0", x.tells(0, 0), -9999);
+        CHECK.due("sep below 0", x.tells(0, 1), -2);
+        CHECK.due("hold, with prev -1", x.tells(0, 2), 9);
+    }
+
+    /** bags: how many FEEDS to it are 0 or 1. */
+    private static void bagsByState() {
+        WingPort x = Ports.with(2, 1, 1);
+        Ports.rule(x, "prio in; sep 0; hold bags;");
+        x.visit(0, 0, 300, 99);
+        x.visit(0, 0, 20, 99);
+        x.visit(1, 0, 300, 99);
+        x.feed(0, 1, 90, 2);
+        x.feed(0, 1, 90, 40);
+        x.feed(2, 1, 90, 1);
+        x.feed(1, 0, 90, 1);
+        CHECK.due("in the planes", x.tells(1, 2), 3);
+        CHECK.due("to another", x.tells(0, 2), 1);
+        CHECK.due("to none", x.tells(2, 2), 0);
+        Ports.runTill(x, 15);
+        CHECK.due("on the carts", x.tells(1, 2), 3);
+        Ports.runTill(x, 17);
+        CHECK.due("one is there", x.feedTold(0, 3), 2);
+        CHECK.due("two are not", x.tells(1, 2), 2);
+        Ports.runTill(x, 55);
+        CHECK.due("one is missed", x.feedTold(1, 3), 3);
+        CHECK.due("one is left", x.tells(1, 2), 1);
+        Ports.runTill(x, 61);
+        CHECK.due("from one that went", x.feedTold(2, 3), 3);
+        CHECK.due("none is left", x.tells(1, 2), 0);
+    }
+
+    /** crew: LIMIT less TICK. */
+    private static void crewAtTheLimit() {
+        WingPort x = new WingPort();
+        Ports.rule(x, "prio crew; sep wait; hold 0;");
+        x.run(5);
+        x.visit(0, 10, 300, 7);
+        CHECK.due("ahead of the limit", x.tells(0, 0), 12);
+        CHECK.due("wait as it is told", x.tells(0, 1), 0);
+        x.late(0, 2);
+        CHECK.due("late", x.tells(0, 0), 14);
+        Ports.runTill(x, 19);
+        CHECK.due("at the limit", x.tells(0, 0), 0);
+        x.run(1);
+        CHECK.due("behind it", x.tells(0, 0), -1);
+        CHECK.due("wait since it holds", x.tells(0, 1), 8);
+    }
+
+    /** late: TICK less ETD, 0 at least. */
+    private static void lateAtEtd() {
+        WingPort x = new WingPort();
+        Ports.rule(x, "prio late; sep in; hold fog;");
+        x.visit(0, 3, 8, 7);
+        int[] late = {0, 0, 0, 0, 0, 0, 0, 0, 0, 1, 2};
+        for (int tick = 0; tick < late.length; tick++) {
+            CHECK.due("late at " + tick, x.tells(0, 0), late[tick]);
+            CHECK.due("in at " + tick, x.tells(0, 1), tick > 3 ? 1 : 0);
+            CHECK.due("fog at " + tick, x.tells(0, 2), tick % 2);
+            x.run(1);
+            x.set(5, (tick + 1) % 2);
+        }
     }
 
     private static void tellsRefuses() {

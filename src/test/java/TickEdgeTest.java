@@ -1,0 +1,623 @@
+/** Promise 8 again: the sentences on a tick that name an edge, each with the ticks just ahead and at it. */
+public final class TickEdgeTest {
+    private static final Check CHECK = new Check("tick edge");
+    private static final int ARRIVAL = 0, STAND = 1, WORK = 2, WANT = 3, BAGS = 4, RUNWAY = 5, FOG = 6, CREW = 7,
+        ICE = 8;
+    private static final int DUE = 0, HOLDS = 1, LANDS = 2, ROLLS = 3, STANDS = 4, WAITS = 5, LEAVES = 6, GONE = 7,
+        WENT = 8;
+    private static final String APART_BY_NOTHING = "prio 0; sep 0; hold 0;";
+    /** The largest int, as a text can say it. */
+    private static final String LARGEST = "9999*9999*21+9999*4790+8416";
+
+    public static void main(String[] args) {
+        holdsFor60();
+        rollsByKind();
+        lateBehindTheLastTick();
+        freedTruckGoesToTheLeast();
+        trucksOfActs();
+        actsWithoutTrucks();
+        carts();
+        cartsOfOneVisit();
+        feedsOfOneThatWent();
+        cartToOneThatIsGone();
+        bagsInThePlaneAreWaitedFor();
+        bagsThatGoAway();
+        sparesByNumbers();
+        icerByActFirst();
+        icedWhileNotColdAnyMore();
+        standIsFreeInTheTick();
+        oneStandForTwo();
+        noStandForOne();
+        runwaysByNumbers();
+        sepOfTheLargest();
+        prioOfTheLeast();
+        apartFromNone();
+        fogOfOneThatWaits();
+        workAheadOfWant();
+        lateFromEtdOn();
+        lateNoMore();
+        lastTick();
+        CHECK.end();
+    }
+
+    private static WingPort twoRunways(int trucks, int... sizes) {
+        WingPort x = Ports.with(trucks, sizes);
+        x.set(8, 2);
+        Ports.rule(x, APART_BY_NOTHING);
+        return x;
+    }
+
+    private static void tells(String what, WingPort x, int v, int state, int since) {
+        CHECK.due(what + ": state", x.visitTold(v, 1), state);
+        CHECK.due(what + ": since", x.visitTold(v, 2), since);
+    }
+
+    /** The late ticks of a visit are these by causes, and no others. */
+    private static void causes(String what, WingPort x, int v, int... pairs) {
+        int[] due = new int[9];
+        int all = 0;
+        for (int i = 0; i < pairs.length; i += 2) {
+            due[pairs[i]] = pairs[i + 1];
+            all += pairs[i + 1];
+        }
+        for (int c = 0; c < 9; c++) {
+            CHECK.due(what + ": cause(" + v + ", " + c + ")", x.cause(v, c), due[c]);
+        }
+        CHECK.due(what + ": late ticks of " + v, x.visitTold(v, 7), all);
+    }
+
+    /** HOLDS for 60 ticks: WENT, and that comes ahead of the runways. */
+    private static void holdsFor60() {
+        WingPort x = Ports.with(1, 2);
+        x.visit(3, 0, 300, 99);
+        x.visit(3, 7, 300, 99);
+        Ports.runTill(x, 59);
+        x.stand(3);
+        x.run(1);
+        tells("lands in the last tick", x, 0, LANDS, 59);
+        Ports.runTill(x, 67);
+        tells("holds for 59 ticks", x, 1, HOLDS, 7);
+        x.run(1);
+        tells("holds for 60 ticks", x, 1, WENT, 67);
+        WingPort y = Ports.with(1, 2);
+        y.visit(3, 0, 300, 99);
+        Ports.runTill(y, 60);
+        y.stand(3);
+        y.run(1);
+        tells("a stand a tick too late", y, 0, WENT, 60);
+        CHECK.due("it takes no stand", y.standTold(1, 1), -1);
+        CHECK.due("nor the runway", y.runwayTold(0, 1), -1);
+    }
+
+    /** LANDS for ROLL: ROLLS. ROLLS for 4: STANDS. LEAVES for ROLL: GONE. */
+    private static void rollsByKind() {
+        int[] rolls = {2, 2, 2, 3, 2, 3};
+        for (int kind = 0; kind < 6; kind++) {
+            int roll = rolls[kind];
+            String name = "kind " + kind;
+            WingPort x = Ports.with(1, 3);
+            x.visit(kind, 0, 200, 999);
+            Ports.runTill(x, roll);
+            tells(name + " lands", x, 0, LANDS, 0);
+            CHECK.due(name + " ends", x.runwayTold(0, 0), roll);
+            x.run(1);
+            tells(name + " rolls", x, 0, ROLLS, roll);
+            Ports.runTill(x, roll + 4);
+            tells(name + " rolls still", x, 0, ROLLS, roll);
+            x.run(1);
+            tells(name + " stands", x, 0, STANDS, roll + 4);
+            Ports.runTill(x, 204);
+            tells(name + " waits", x, 0, WAITS, 200);
+            Ports.runTill(x, 204 + roll);
+            tells(name + " leaves", x, 0, LEAVES, 204);
+            CHECK.due(name + " ends again", x.runwayTold(0, 0), 204 + roll);
+            CHECK.due(name + " is PREV", x.runwayTold(0, 1), kind);
+            x.run(1);
+            tells(name + " is gone", x, 0, GONE, 204 + roll);
+        }
+    }
+
+    private static void lateBehindTheLastTick() {
+        WingPort x = Ports.with(1, 1);
+        Ports.runTill(x, 9800);
+        x.visit(0, 9998, 9999, 999);
+        x.visit(0, 9801, 9990, 1);
+        CHECK.due("late by 999", x.late(0, 999), 0);
+        x.late(1, 999);
+        CHECK.due("comes behind 9999", x.visitTold(0, 4), 10997);
+        CHECK.due("limit behind 9999", x.visitTold(0, 10), 11996);
+        Ports.runTill(x, 9999);
+        tells("due for ever", x, 0, DUE, 9800);
+        causes("etd 9999 is never come", x, 0);
+        causes("etd 9990", x, 1, ARRIVAL, 9);
+    }
+
+    /** VISITS by numbers: whoever waits longer. */
+    private static void freedTruckGoesToTheLeast() {
+        WingPort x = twoRunways(1, 1, 1, 1);
+        x.visit(0, 2, 100, 999);
+        x.visit(0, 0, 100, 999);
+        x.visit(0, 0, 100, 999);
+        Ports.runTill(x, 8);
+        CHECK.due("the lesser of two", x.visitTold(1, 8), 1);
+        CHECK.due("the other waits", x.visitTold(2, 8), 0);
+        x.run(1);
+        CHECK.due("one that has just come, by its number", x.visitTold(0, 8), 1);
+        CHECK.due("the other waits still", x.visitTold(2, 8), 0);
+        CHECK.due("one is BUSY", x.trucks(0, 1), 1);
+        Ports.runTill(x, 11);
+        CHECK.due("then the other", x.visitTold(2, 8), 1);
+        x.set(0, 2);
+        CHECK.due("as many as are BUSY", x.set(0, 1), 2);
+        CHECK.due("fewer", x.set(0, 0), WingPort.STATE);
+    }
+
+    /** STAIRS, FUEL, FOOD need one of theirs, PUSH a TUG, ICE an ICER; others none. */
+    private static void trucksOfActs() {
+        int[] done = {0, 1 + 2 + 4 + 16, 1 + 2 + 4 + 8, 127, 63};
+        int[] bit = {1, 8, 16, 128, 64};
+        for (int sort = 0; sort < 5; sort++) {
+            String what = "no truck of sort " + sort;
+            WingPort x = Ports.with(1, 1);
+            x.set(6, 1);
+            x.set(sort, 0);
+            x.visit(0, 0, 60, 999);
+            Ports.runTill(x, 61);
+            CHECK.due(what + ": done", x.visitTold(0, 6), done[sort]);
+            CHECK.due(what + ": under way", x.visitTold(0, 8), 0);
+            causes(what, x, 0, WANT, 1);
+            x.set(sort, 1);
+            x.run(1);
+            CHECK.due("one of sort " + sort, x.visitTold(0, 8), bit[sort]);
+            CHECK.due("it is BUSY", x.trucks(sort, 1), 1);
+            CHECK.due("it can't be taken away", x.set(sort, 0), WingPort.STATE);
+            causes("one of sort " + sort, x, 0, WANT, 1, WORK, 1);
+        }
+    }
+
+    /** UNLOAD, CLEAN and LOAD begin while no truck of any sort is free. */
+    private static void actsWithoutTrucks() {
+        WingPort x = Ports.with(1, 1);
+        x.visit(0, 0, 300, 999);
+        Ports.runTill(x, 9);
+        CHECK.due("UNLOAD", x.visitTold(0, 8), 2);
+        noTrucks(x);
+        Ports.runTill(x, 15);
+        CHECK.due("CLEAN without a truck", x.visitTold(0, 8), 4);
+        x.set(1, 1);
+        x.set(2, 1);
+        Ports.runTill(x, 21);
+        CHECK.due("FOOD, the last ahead of LOAD", x.visitTold(0, 8), 16);
+        for (int sort : new int[] {0, 1, 3, 4}) {
+            x.set(sort, 0);
+        }
+        Ports.runTill(x, 23);
+        CHECK.due("LOAD without another truck", x.visitTold(0, 8), 32);
+        WingPort y = Ports.with(1, 1);
+        y.visit(2, 0, 300, 999);
+        Ports.runTill(y, 17);
+        CHECK.due("FUEL, the last ahead of LOAD", y.visitTold(0, 8), 8);
+        for (int sort : new int[] {0, 2, 3, 4}) {
+            y.set(sort, 0);
+        }
+        Ports.runTill(y, 20);
+        CHECK.due("LOAD without FOOD trucks", y.visitTold(0, 8), 32);
+    }
+
+    private static void noTrucks(WingPort x) {
+        for (int sort = 0; sort < 5; sort++) {
+            CHECK.due("none of sort " + sort, x.set(sort, 0), 1);
+        }
+    }
+
+    /** As UNLOAD is DONE ..., and come at t and CART; one that comes at t or came: 2. */
+    private static void carts() {
+        int[] carts = {1, 2, 99};
+        for (int cart : carts) {
+            WingPort x = twoRunways(2, 1, 1);
+            x.visit(0, 0, 300, 999);
+            x.visit(0, 0, 300, 999);
+            x.feed(0, 1, 5, cart);
+            Ports.runTill(x, 14);
+            CHECK.due("in the plane", x.feedTold(0, 3), 0);
+            CHECK.due("not told yet", x.feedTold(0, 4), -1);
+            x.run(1);
+            CHECK.due("on the cart", x.feedTold(0, 3), 1);
+            CHECK.due("comes by " + cart, x.feedTold(0, 4), 14 + cart);
+            Ports.runTill(x, 14 + cart);
+            CHECK.due("a tick ahead by " + cart, x.feedTold(0, 3), 1);
+            x.run(1);
+            CHECK.due("there by " + cart, x.feedTold(0, 3), 2);
+        }
+    }
+
+    private static void cartsOfOneVisit() {
+        WingPort x = twoRunways(3, 1, 1, 1);
+        x.visit(0, 0, 300, 999);
+        x.visit(0, 1, 300, 999);
+        x.visit(0, 50, 300, 999);
+        x.feed(0, 2, 5, 9);
+        x.feed(1, 2, 6, 9);
+        x.feed(0, 1, 7, 3);
+        x.feed(2, 0, 8, 3);
+        Ports.runTill(x, 15);
+        int[] comes = {23, -1, 17, -1};
+        for (int f = 0; f < 4; f++) {
+            CHECK.due("FEED " + f + " comes", x.feedTold(f, 4), comes[f]);
+        }
+        x.run(1);
+        CHECK.due("the other a tick later", x.feedTold(1, 4), 24);
+        Ports.runTill(x, 25);
+        CHECK.due("there, ahead of the plane", x.feedTold(0, 3) + x.feedTold(1, 3), 4);
+    }
+
+    /** If the other VISIT WENT, or one that is 0 is from one that WENT: 3. */
+    private static void feedsOfOneThatWent() {
+        WingPort x = Ports.with(1, 1);
+        x.visit(0, 90, 300, 999);
+        x.visit(1, 0, 300, 999);
+        x.visit(0, 90, 300, 999);
+        x.feed(0, 1, 5, 9);
+        x.feed(1, 2, 6, 9);
+        x.feed(0, 2, 7, 9);
+        Ports.runTill(x, 60);
+        CHECK.due("holds", x.feedTold(0, 3) + x.feedTold(1, 3), 0);
+        x.run(1);
+        CHECK.due("the other one WENT", x.feedTold(0, 3), 3);
+        CHECK.due("from one that WENT", x.feedTold(1, 3), 3);
+        CHECK.due("its cart is never told", x.feedTold(1, 4), -1);
+        CHECK.due("of others", x.feedTold(2, 3), 0);
+        CHECK.due("missed", x.count(9), 11);
+    }
+
+    private static void cartToOneThatIsGone() {
+        WingPort x = twoRunways(2, 1, 1);
+        x.visit(0, 0, 300, 999);
+        x.visit(0, 0, 20, 999);
+        x.feed(0, 1, 5, 99);
+        Ports.runTill(x, 113);
+        CHECK.due("gone", x.visitTold(1, 1), GONE);
+        CHECK.due("on the cart for one that is gone", x.feedTold(0, 3), 1);
+        CHECK.due("not missed yet", x.count(9), 0);
+        x.run(1);
+        CHECK.due("missed as it comes", x.feedTold(0, 3), 3);
+    }
+
+    /** BAGS: LOAD, as long as t is below ETD and what hold says, if FEEDS to it are 0 or 1. */
+    private static void bagsInThePlaneAreWaitedFor() {
+        int[] holds = {0, 1, 5};
+        for (int hold : holds) {
+            WingPort x = Ports.with(1, 1);
+            Ports.rule(x, "prio 0; sep 0; hold " + hold + ";");
+            x.visit(0, 200, 300, 999);
+            x.visit(0, 0, 40, 999);
+            x.feed(0, 1, 5, 9);
+            Ports.runTill(x, 40 + hold);
+            CHECK.due("held by " + hold, x.visitTold(1, 8), 0);
+            CHECK.due("all is done but LOAD", x.visitTold(1, 6), 31);
+            causes("held by " + hold, x, 1, BAGS, hold);
+            x.run(1);
+            CHECK.due("no longer than " + hold, x.visitTold(1, 8), 32);
+            causes("loaded by " + hold, x, 1, BAGS, hold, WORK, 1);
+        }
+    }
+
+    private static void bagsThatGoAway() {
+        WingPort x = Ports.with(1, 1);
+        x.visit(0, 200, 300, 999);
+        x.visit(0, 0, 90, 999);
+        x.feed(1, 0, 5, 9);
+        Ports.runTill(x, 23);
+        CHECK.due("bags from it aren't waited for", x.visitTold(1, 8), 32);
+    }
+
+    /** PUSH above LIMIT takes a SPARE crew. */
+    private static void sparesByNumbers() {
+        WingPort x = twoRunways(3, 1, 1, 1);
+        x.set(7, 1);
+        x.visit(0, 0, 20, 30);
+        x.visit(0, 0, 20, 29);
+        x.visit(0, 0, 20, 29);
+        Ports.runTill(x, 32);
+        tells("the third a sep later", x, 2, STANDS, 8);
+        CHECK.due("at its LIMIT by its own crew", x.visitTold(0, 8), 128);
+        CHECK.due("above it by a SPARE one", x.visitTold(1, 8), 128);
+        CHECK.due("that is taken", x.count(10), 0);
+        Ports.runTill(x, 34);
+        CHECK.due("none for the third", x.visitTold(2, 8), 0);
+        causes("none for the third", x, 2, WORK, 12, CREW, 2);
+        x.set(7, 9);
+        x.run(1);
+        CHECK.due("one of nine", x.count(10), 8);
+        x.run(10);
+        CHECK.due("one crew a push", x.count(10), 8);
+        CHECK.due("it isn't given back", x.set(7, 0), 8);
+    }
+
+    /** (4) is ahead of (5): an ICER goes to one that stands. */
+    private static void icerByActFirst() {
+        WingPort x = Ports.with(1, 1, 1);
+        x.set(6, 1);
+        x.visit(0, 0, 76, 999);
+        x.visit(0, 47, 300, 999);
+        Ports.runTill(x, 77);
+        tells("iced 40 ticks ago", x, 0, WAITS, 76);
+        causes("iced 40 ticks ago", x, 0, WORK, 1);
+        x.run(1);
+        CHECK.due("the one that stands is iced", x.visitTold(1, 8), 64);
+        CHECK.due("the one that waits isn't", x.visitTold(0, 8), 0);
+        causes("iced 41 ticks ago", x, 0, WORK, 1, ICE, 1);
+        Ports.runTill(x, 84);
+        CHECK.due("then it is", x.visitTold(0, 8), 64);
+        Ports.runTill(x, 90);
+        tells("leaves as it is iced", x, 0, LEAVES, 89);
+        causes("iced", x, 0, WORK, 1, ICE, 12);
+    }
+
+    /** READY: ... WAITS for 4 ticks, is not under way with ICE, and doesn't need it. */
+    private static void icedWhileNotColdAnyMore() {
+        WingPort x = Ports.with(1, 1);
+        x.set(6, 1);
+        x.visit(0, 0, 100, 999);
+        Ports.runTill(x, 102);
+        x.set(6, 0);
+        Ports.runTill(x, 106);
+        tells("under way, though it isn't COLD", x, 0, WAITS, 100);
+        x.run(1);
+        tells("leaves", x, 0, LEAVES, 106);
+        causes("under way", x, 0, ICE, 6);
+        WingPort y = Ports.with(1, 1);
+        y.visit(0, 0, 100, 999);
+        Ports.runTill(y, 102);
+        y.set(6, 1);
+        y.set(4, 0);
+        y.run(1);
+        causes("needed in its first ticks", y, 0, WORK, 2, ICE, 1);
+        y.set(6, 0);
+        y.run(1);
+        causes("not needed any more", y, 0, WORK, 3, ICE, 1);
+        y.run(1);
+        tells("as if nothing was", y, 0, LEAVES, 104);
+    }
+
+    /** PUSH: its STAND is free, ahead of the runways. */
+    private static void standIsFreeInTheTick() {
+        WingPort x = Ports.with(1, 1);
+        x.visit(0, 0, 50, 999);
+        x.visit(0, 45, 49, 999);
+        Ports.runTill(x, 50);
+        tells("its stand isn't free", x, 1, HOLDS, 45);
+        causes("its stand isn't free", x, 1, STAND, 1);
+        x.run(1);
+        tells("pushed", x, 0, WAITS, 50);
+        CHECK.due("has no stand any more", x.visitTold(0, 3), -1);
+        tells("lands", x, 1, LANDS, 50);
+        CHECK.due("on that stand", x.visitTold(1, 3), 0);
+        CHECK.due("it has the stand", x.standTold(0, 1), 1);
+        causes("lands", x, 1, STAND, 1, ARRIVAL, 1);
+    }
+
+    /** HOLDS: STAND, if it has none (now): what has gone in this tick is gone. */
+    private static void oneStandForTwo() {
+        WingPort x = twoRunways(1, 1);
+        x.visit(0, 0, 1, 999);
+        x.visit(0, 0, 1, 999);
+        x.late(0, 5);
+        x.late(1, 5);
+        Ports.runTill(x, 6);
+        tells("the first lands", x, 0, LANDS, 5);
+        tells("the other has no stand", x, 1, HOLDS, 5);
+        CHECK.due("the other runway is free", x.runwayTold(1, 1), -1);
+        causes("the first", x, 0, ARRIVAL, 5);
+        causes("the other", x, 1, ARRIVAL, 4, STAND, 1);
+    }
+
+    /** Its WISH, if that is free (and told), else of all that are free and of its SIZE at least ... */
+    private static void noStandForOne() {
+        WingPort x = twoRunways(1, 3, 1, 2);
+        x.visit(3, 0, 300, 999);
+        x.visit(3, 0, 5, 999);
+        x.wish(1, 0);
+        Ports.runTill(x, 9);
+        tells("its wish isn't free, others are too small", x, 1, HOLDS, 0);
+        causes("no stand", x, 1, STAND, 4);
+        x.stand(3);
+        x.run(1);
+        CHECK.due("one that fits, though it wishes another", x.visitTold(1, 3), 3);
+        CHECK.due("its wish stays", x.visitTold(1, 9), 0);
+        WingPort y = twoRunways(1, 3, 2, 2);
+        y.visit(1, 0, 300, 999);
+        y.visit(1, 0, 300, 999);
+        y.wish(0, 2);
+        y.run(1);
+        CHECK.due("its wish, of like ones not the least", y.visitTold(0, 3), 2);
+        CHECK.due("the least of like ones is left", y.visitTold(1, 3), 1);
+        WingPort z = twoRunways(1, 3, 2, 2);
+        z.visit(1, 0, 300, 999);
+        z.wish(0, 0);
+        z.wish(0, -1);
+        z.run(1);
+        CHECK.due("a wish that was taken back", z.visitTold(0, 3), 1);
+    }
+
+    /** RUNWAYS by numbers: of VISITS that are READY for it ... */
+    private static void runwaysByNumbers() {
+        WingPort x = Ports.with(1, 1, 1, 1);
+        x.set(8, 2);
+        Ports.rule(x, "prio kind; sep 0; hold 0;");
+        x.visit(0, 0, 300, 999);
+        x.visit(4, 0, 300, 999);
+        x.visit(2, 0, 300, 999);
+        x.run(1);
+        CHECK.due("the greatest prio on runway 0", x.runwayTold(0, 1), 4);
+        CHECK.due("the next one on runway 1", x.runwayTold(1, 1), 2);
+        tells("the third holds", x, 0, HOLDS, 0);
+        x.run(1);
+        tells("a tick ahead of the end", x, 0, HOLDS, 0);
+        x.run(1);
+        tells("at the end", x, 0, LANDS, 2);
+        CHECK.due("on runway 0", x.runwayTold(0, 0), 4);
+        CHECK.due("not on runway 1", x.runwayTold(1, 0), 2);
+        WingPort y = twoRunways(1, 1, 1);
+        y.visit(0, 0, 300, 999);
+        y.visit(0, 1, 300, 999);
+        y.run(2);
+        CHECK.due("runway 1, while 0 is used", y.runwayTold(1, 0), 3);
+        WingPort z = twoRunways(1, 1, 1);
+        z.set(8, 1);
+        z.visit(0, 0, 300, 999);
+        z.visit(0, 0, 300, 999);
+        z.run(1);
+        tells("just one runway", z, 1, HOLDS, 0);
+    }
+
+    /** ENDS and, if it has a PREV, what sep says more: a large one doesn't wrap. */
+    private static void sepOfTheLargest() {
+        WingPort x = Ports.with(1, 1, 1);
+        Ports.rule(x, "prio 0; sep " + LARGEST + "; hold 0;");
+        x.visit(0, 0, 300, 999);
+        x.visit(0, 0, 300, 999);
+        Ports.runTill(x, 60);
+        tells("the first lands, as there is no PREV", x, 0, STANDS, 6);
+        tells("the other never", x, 1, HOLDS, 0);
+        x.run(1);
+        tells("till it went", x, 1, WENT, 60);
+        WingPort y = Ports.with(1, 1, 1);
+        Ports.rule(y, "prio 0; sep " + LARGEST + "+1; hold 0;");
+        y.visit(0, 0, 300, 999);
+        y.visit(0, 0, 300, 999);
+        Ports.runTill(y, 3);
+        tells("a larger one wraps, and is 0 then", y, 1, LANDS, 2);
+    }
+
+    private static void prioOfTheLeast() {
+        WingPort x = Ports.with(1, 1, 1);
+        Ports.rule(x, "prio " + LARGEST + "+1-kind; sep 0; hold 0;");
+        x.visit(0, 0, 300, 999);
+        x.visit(2, 0, 300, 999);
+        x.run(1);
+        tells("the largest int", x, 1, LANDS, 0);
+        tells("the least int", x, 0, HOLDS, 0);
+        x.run(2);
+        tells("the least int, alone", x, 0, LANDS, 2);
+    }
+
+    /** What sep says is asked for just if there is a PREV, of this runway, and below 0 it is 0. */
+    private static void apartFromNone() {
+        WingPort x = Ports.with(1, 1, 1, 1);
+        x.set(8, 2);
+        Ports.rule(x, "prio 0; sep 50 - wait * 100; hold 0;");
+        x.visit(0, 0, 300, 999);
+        x.visit(0, 1, 300, 999);
+        x.visit(0, 2, 300, 999);
+        Ports.runTill(x, 3);
+        tells("no PREV on runway 0", x, 0, ROLLS, 2);
+        tells("no PREV on runway 1", x, 1, LANDS, 1);
+        tells("50 behind a PREV", x, 2, HOLDS, 2);
+        x.run(1);
+        tells("-50 is 0", x, 2, LANDS, 3);
+        CHECK.due("runway 0", x.runwayTold(0, 0), 5);
+    }
+
+    /** WAITS: ... else as HOLDS (6, 5). */
+    private static void fogOfOneThatWaits() {
+        int[][] rows = {{1, 2, FOG}, {1, 1, RUNWAY}, {0, 1, RUNWAY}};
+        for (int[] row : rows) {
+            String what = "FOG " + row[0] + ", RUNWAYS " + row[1];
+            WingPort x = Ports.with(1, 1, 1);
+            x.set(5, row[0]);
+            x.set(8, row[1]);
+            Ports.rule(x, "prio in; sep 6; hold 0;");
+            x.visit(0, 0, 40, 999);
+            x.visit(0, 44, 300, 999);
+            Ports.runTill(x, 52);
+            tells(what + ": it waits", x, 0, WAITS, 40);
+            causes(what, x, 0, WORK, 4, row[2], 8);
+            x.run(1);
+            tells(what + ": it leaves", x, 0, LEAVES, 52);
+        }
+        WingPort y = Ports.with(1, 1, 1);
+        y.set(8, 2);
+        y.visit(0, 0, 40, 999);
+        y.visit(0, 44, 300, 999);
+        Ports.runTill(y, 45);
+        tells("two runways and no FOG", y, 0, LEAVES, 44);
+        CHECK.due("on runway 1", y.runwayTold(1, 0), 46);
+    }
+
+    /** STANDS: its least ACT that wasn't DONE: WORK, if it was under way then, else what hindered it. */
+    private static void workAheadOfWant() {
+        WingPort x = Ports.with(1, 1);
+        x.set(2, 0);
+        x.visit(0, 0, 7, 999);
+        Ports.runTill(x, 19);
+        CHECK.due("FUEL is under way, FOOD is wanted", x.visitTold(0, 8), 8);
+        causes("FUEL is the least", x, 0, WORK, 12);
+        x.run(1);
+        causes("FOOD is the least", x, 0, WORK, 12, WANT, 1);
+        WingPort y = Ports.with(1, 1);
+        y.set(1, 0);
+        y.visit(0, 0, 15, 999);
+        Ports.runTill(y, 18);
+        causes("CLEAN is the least", y, 0, WORK, 3);
+        y.run(4);
+        CHECK.due("FOOD is under way, FUEL is wanted", y.visitTold(0, 8), 16);
+        causes("FUEL is the least, though FOOD is under way", y, 0, WORK, 3, WANT, 4);
+    }
+
+    /** VISITS of STATE 0 .. 5, t not below ETD. */
+    private static void lateFromEtdOn() {
+        WingPort x = Ports.with(1, 1);
+        x.visit(0, 0, 29, 999);
+        x.visit(0, 60, 61, 999);
+        Ports.runTill(x, 29);
+        causes("ahead of ETD", x, 0);
+        x.run(1);
+        causes("at ETD", x, 0, WORK, 1);
+        Ports.runTill(x, 37);
+        causes("till it leaves", x, 0, WORK, 8);
+        tells("waits", x, 0, WAITS, 33);
+        x.run(1);
+        tells("leaves", x, 0, LEAVES, 37);
+        causes("not as it leaves", x, 0, WORK, 8);
+        Ports.runTill(x, 63);
+        tells("lands, though late", x, 1, ROLLS, 62);
+        causes("lands, rolls", x, 1, ARRIVAL, 2);
+        Ports.runTill(x, 67);
+        causes("stands", x, 1, ARRIVAL, 5, WORK, 1);
+        WingPort y = new WingPort();
+        y.visit(0, 5, 9, 999);
+        y.late(0, 10);
+        Ports.runTill(y, 9);
+        causes("due ahead of ETD", y, 0);
+        y.run(1);
+        causes("due at ETD", y, 0, ARRIVAL, 1);
+    }
+
+    private static void lateNoMore() {
+        WingPort x = Ports.with(1, 1);
+        x.visit(1, 0, 59, 999);
+        x.visit(1, 0, 60, 999);
+        Ports.runTill(x, 100);
+        causes("the last tick in which it holds", x, 0, STAND, 1);
+        causes("none as it went", x, 1);
+        CHECK.due("late ticks of all", x.count(8), 1);
+    }
+
+    private static void lastTick() {
+        WingPort x = new WingPort();
+        Ports.runTill(x, 9990);
+        x.visit(0, 9997, 9998, 9);
+        x.visit(0, 9998, 9999, 9);
+        Ports.runTill(x, 9999);
+        causes("tick 9998 was the last", x, 0, STAND, 1);
+        causes("tick 9999 does not come", x, 1);
+        tells("comes in the last tick", x, 1, HOLDS, 9998);
+        CHECK.due("no visit at TICK 9999", x.visit(0, 9999, 10000, 9), WingPort.BAD);
+        CHECK.due("nor with an etd that isn't behind it", x.visit(0, 9999, 9999, 9), WingPort.BAD);
+        CHECK.due("nor a tick", x.run(1), WingPort.FULL);
+        CHECK.due("nor beside", x.beside(1, 0), WingPort.FULL);
+        CHECK.due("nor a plan", x.plan(2, 1), WingPort.FULL);
+        CHECK.due("but what was thought", x.expects(0, 9999), 9997 + 6 + 27);
+    }
+}
