@@ -1207,7 +1207,7 @@ public final class WingPort {
     static final class Rule {
         static final int PRIO = 0, SEP = 1, HOLD = 2, PARTS = 3, NAMES = 8;
         /** Codes: numbers are themselves, names and signs stand behind these. */
-        static final int NAME = 10000, SIGN = 10100;
+        static final int NAME = 10000, SIGN = NAME + NAMES;
         static final int OR = SIGN, AND = SIGN + 1, NOT = SIGN + 2, LESS = SIGN + 3, LIKE = SIGN + 4,
             PLUS = SIGN + 5, MINUS = SIGN + 6, TIMES = SIGN + 7, NEGATE = SIGN + 8;
 

@@ -7,6 +7,7 @@ public final class AheadTest {
         besideIsWhatComes();
         besideCarriesAll();
         besideCarriesEach();
+        besideAsTold();
         planRefuses();
         planOfOne();
         planOfTwo();
@@ -120,14 +121,43 @@ public final class AheadTest {
         z.visit(0, 0, 72, 999);
         z.run(50);
         CHECK.due("when it was iced", z.beside(60, 0), 4);
-        WingPort u = Ports.with(1, 1, 1);
-        u.visit(0, 0, 30, 999);
+        WingPort u = Ports.with(2, 1, 2);
+        u.visit(1, 0, 30, 999);
         u.visit(0, 0, 200, 999);
-        u.visit(0, 20, 50, 999);
-        u.wish(0, 1);
+        u.visit(1, 20, 50, 999);
         u.run(20);
-        // stand 1 is free from 33 on: the third comes to it, and is gone in time
-        CHECK.due("which stand it leaves to another", u.beside(100, 1), 2);
+        // stand 1 is free from 41 on, stand 0 would be too small
+        CHECK.due("which stand it leaves to another", u.beside(100, 2), 0);
+    }
+
+    /** BESIDE is by what is told now: THE RULE, FOG, SPARE crews, trucks, stands, runways. */
+    private static void besideAsTold() {
+        WingPort x = Ports.with(1, 1, 1);
+        x.visit(0, 0, 1, 999);
+        x.visit(0, 0, 1, 999);
+        x.run(1);
+        // the first is late by ARRIVAL in ticks 1 to 9, the other too, wherever it is
+        CHECK.due("both are there, late", x.beside(9, 0), 18);
+        Ports.text(x, "prio 0; sep 90; hold 0;");
+        CHECK.due("WENT by rule 0", x.beside(70, 2), 0);
+        x.force(1);
+        CHECK.due("WENT by rule 1", x.beside(70, 2), 1);
+        x.set(8, 2);
+        CHECK.due("WENT with two runways", x.beside(70, 2), 0);
+        x.set(5, 1);
+        CHECK.due("WENT in FOG", x.beside(70, 2), 1);
+        x.force(0);
+        CHECK.due("WENT by rule 0 in FOG", x.beside(70, 2), 0);
+        CHECK.due("GONE", x.beside(90, 1), 2);
+        x.set(0, 0);
+        CHECK.due("GONE without stairs", x.beside(90, 1), 0);
+        x.set(7, 5);
+        CHECK.due("SPARE", x.beside(90, 4), 5);
+        x.visit(3, 1, 2, 9);
+        CHECK.due("a WIDE WENT", x.beside(70, 2), 1);
+        x.stand(3);
+        CHECK.due("not with a stand of 3", x.beside(70, 2), 0);
+        CHECK.due("TICK is as it was", x.count(0), 1);
     }
 
     private static WingPort coldPort() {

@@ -45,6 +45,12 @@ public final class HostTest {
         CHECK.due("is missing", x.cell(2, 0, 1), NOTHING);
         CHECK.due("missing, n below 0", x.sheet(3, -1, -99), 1);
         CHECK.due("is missing, too", x.copy(3, 0, 3, 0, 0), NOTHING);
+        for (int n : new int[] {Integer.MIN_VALUE, -1, 0, 40, 41, Integer.MAX_VALUE}) {
+            x.sheet(2, 0, 1);
+            CHECK.due("missing, n " + n, x.sheet(2, -1, n), 1);
+            CHECK.due("is missing, n " + n, x.cell(2, 0, 1), NOTHING);
+            CHECK.due("missing again", x.sheet(2, -1, n), 1);
+        }
     }
 
     private static void cell() {

@@ -10,6 +10,8 @@ public final class PortTest {
         visits();
         late();
         wishes();
+        wishesOfSix();
+        wishesBySizes();
         feeds();
         visitTold();
         causes();
@@ -173,6 +175,37 @@ public final class PortTest {
         x.run(1);
         CHECK.due("holds, its stand isn't free", x.visitTold(1, 1), 1);
         CHECK.due("a wish while it holds", x.wish(1, 2), 6);
+    }
+
+    /** What it was; 6: none. */
+    private static void wishesOfSix() {
+        WingPort x = Ports.with(1, 1, 1, 1, 1, 1, 1);
+        x.visit(4, 5, 50, 10);
+        int was = 6;
+        for (int s = 5; s >= -1; s--) {
+            CHECK.due("wish " + s, x.wish(0, s), was);
+            CHECK.due("wished " + s, x.visitTold(0, 9), s);
+            was = s < 0 ? 6 : s;
+        }
+        CHECK.due("none again", x.wish(0, -1), 6);
+        CHECK.due("a seventh", x.wish(0, 6), WingPort.NONE);
+    }
+
+    /** A WISH needs a stand of its SIZE at least. */
+    private static void wishesBySizes() {
+        int[] sizes = {1, 2, 1, 3, 1, 3};
+        for (int kind = 0; kind < 6; kind++) {
+            WingPort x = Ports.with(1, 3, 1, 2);
+            x.visit(kind, 5, 50, 10);
+            int[] of = {3, 1, 2};
+            int was = 6;
+            for (int s = 0; s < 3; s++) {
+                boolean fits = of[s] >= sizes[kind];
+                CHECK.due("kind " + kind + " on a stand of " + of[s], x.wish(0, s), fits ? was : WingPort.BAD);
+                was = fits ? s : was;
+                CHECK.due("wish of kind " + kind, x.visitTold(0, 9), was);
+            }
+        }
     }
 
     private static void feeds() {

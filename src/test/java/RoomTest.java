@@ -35,9 +35,9 @@ public final class RoomTest {
         return x;
     }
 
-    /** 512 calls, the dearest among them: of all kinds that a port has. */
+    /** The dearest calls, as many as an object is used for once it is furnished. */
     private static void dearCalls(WingPort x) {
-        for (int k = 0; k < 64; k++) {
+        for (int k = 0; k < 56; k++) {
             x.plan(0xc00, 40);
             x.beside(200, k % 5);
             x.feedTape(0x7072696f2028313cL, 8);

@@ -170,6 +170,14 @@ public final class RulesTest {
         fault("prio {;", 5);
         fault("prio :;", 5);
         fault("prio 1;sep 2;hold 3;$", 20);
+        for (char b : "AZ@[`{_/:.,!\"#&'>?\t\r\u000b\f\u0000\u001f\u007f\u0080\u00a0\u00e4\u00ff".toCharArray()) {
+            fault("prio in" + b + ";sep 2;hold 3;", 7);
+            fault("prio 12" + b + ";sep 2;hold 3;", 7);
+            fault("prio" + b + "1;sep 2;hold 3;", 4);
+            fault("prio 1;" + b + "sep 2;hold 3;", 7);
+            fault(b + "prio 1;sep 2;hold 3;", 0);
+            fault("prio 1;sep 2;hold 3;" + b, 20);
+        }
     }
 
     /** A WORD that is neither KEY nor NAME, where a KEY, a NAME or a sign could stand. */

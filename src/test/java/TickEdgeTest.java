@@ -32,6 +32,8 @@ public final class TickEdgeTest {
         sepOfTheLargest();
         prioOfTheLeast();
         apartFromNone();
+        apartByRunway();
+        prioBehindTheFeeds();
         fogOfOneThatWaits();
         workAheadOfWant();
         lateFromEtdOn();
@@ -517,6 +519,53 @@ public final class TickEdgeTest {
         x.run(1);
         tells("-50 is 0", x, 2, LANDS, 3);
         CHECK.due("runway 0", x.runwayTold(0, 0), 5);
+    }
+
+    /** sep is by the PREV of the RUNWAY that is asked for, not of the other one. */
+    private static void apartByRunway() {
+        for (int wide = 0; wide < 2; wide++) {
+            WingPort x = Ports.with(1, 3, 3, 1, 1);
+            x.set(8, 2);
+            Ports.rule(x, "prio 0; sep (prev = 3) * 20; hold 0;");
+            x.visit(wide == 0 ? 3 : 0, 0, 300, 999);
+            x.visit(wide == 0 ? 0 : 3, 0, 300, 999);
+            x.visit(0, 1, 300, 999);
+            x.visit(0, 1, 300, 999);
+            x.run(3);
+            CHECK.due("the WIDE on runway " + wide, x.runwayTold(wide, 1), 3);
+            tells("one on the other runway", x, 2, LANDS, 2);
+            CHECK.due("it ends there", x.runwayTold(1 - wide, 0), 4);
+            x.run(2);
+            tells("the next one, too", x, 3, LANDS, 4);
+            CHECK.due("behind a PLANE", x.runwayTold(1 - wide, 0), 6);
+            x.visit(0, 22, 300, 999);
+            x.visit(0, 23, 300, 999);
+            x.stand(1);
+            x.stand(1);
+            Ports.runTill(x, 23);
+            CHECK.due("19 behind the WIDE", x.runwayTold(wide, 0), 3);
+            CHECK.due("so on the other runway", x.runwayTold(1 - wide, 0), 24);
+            x.run(1);
+            CHECK.due("20 behind the WIDE", x.runwayTold(wide, 0), 25);
+        }
+    }
+
+    /** (3) is ahead of (6): what has come in this tick isn't waited for any more. */
+    private static void prioBehindTheFeeds() {
+        for (int cart = 29; cart <= 31; cart++) {
+            WingPort x = Ports.with(2, 1, 2, 2);
+            Ports.rule(x, "prio 0 - bags; sep 0; hold 0;");
+            x.visit(1, 100, 300, 999);
+            x.visit(1, 44, 300, 999);
+            x.visit(1, 44, 300, 999);
+            x.visit(0, 0, 300, 999);
+            x.feed(3, 1, 9, cart);
+            Ports.runTill(x, 45);
+            int first = cart <= 30 ? 1 : 2;
+            CHECK.due("there at " + (14 + cart), x.feedTold(0, 3), cart <= 30 ? 2 : 1);
+            tells("the first, cart " + cart, x, first, LANDS, 44);
+            tells("the other, cart " + cart, x, 3 - first, HOLDS, 44);
+        }
     }
 
     /** WAITS: ... else as HOLDS (6, 5). */
