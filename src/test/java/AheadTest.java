@@ -7,11 +7,16 @@ public final class AheadTest {
         besideIsWhatComes();
         besideCarriesAll();
         besideCarriesEach();
+        besideCarriesIce();
+        besideCarriesCarts();
+        besideCarriesRunways();
         besideAsTold();
         planRefuses();
         planOfOne();
         planOfTwo();
         planOfLikeRows();
+        planAtOnce();
+        planWhateverIsWished();
         planOfTooSmall();
         planOfNothing();
         planOfTheLast();
@@ -22,8 +27,12 @@ public final class AheadTest {
         estimates();
         expects();
         expectsOfKinds();
+        expectsWhateverIsDone();
         misses();
         missesByTheLoad();
+        missesOfKinds();
+        missesAsThoughtThen();
+        missesOfManyFeeds();
         CHECK.end();
     }
 
@@ -128,6 +137,53 @@ public final class AheadTest {
         u.run(20);
         // stand 1 is free from 41 on, stand 0 would be too small
         CHECK.due("which stand it leaves to another", u.beside(100, 2), 0);
+    }
+
+    /** Iced at 36 and pushed till 100, it is iced again till 106. */
+    private static void besideCarriesIce() {
+        WingPort x = Ports.with(1, 1);
+        x.set(6, 1);
+        x.visit(0, 0, 100, 999);
+        Ports.runTill(x, 90);
+        CHECK.due("iced too long ago", x.beside(30, 0), 6);
+        Ports.runTill(x, 103);
+        CHECK.due("under way again", x.beside(17, 0), 6);
+        CHECK.due("leaves at 106", x.beside(5, 1), 0);
+        CHECK.due("is gone at 108", x.beside(6, 1), 1);
+    }
+
+    /** LOAD is done at 30: what comes by then on a cart for 16 ticks is missed, for 15 it isn't. */
+    private static void besideCarriesCarts() {
+        for (int from : new int[] {0, 5, 14, 15, 29}) {
+            WingPort x = Ports.with(2, 1, 1);
+            x.set(8, 2);
+            x.visit(0, 0, 90, 999);
+            x.visit(0, 0, 20, 999);
+            x.feed(0, 1, 3, 16);
+            x.feed(0, 1, 7, 15);
+            x.feed(0, 1, 9, 40);
+            if (from > 0) {
+                x.run(from);
+            }
+            CHECK.due("missed by 30, from " + from, x.beside(31 - from, 3), 3);
+            CHECK.due("missed by 53, from " + from, x.beside(54 - from, 3), 3);
+            CHECK.due("missed by 54, from " + from, x.beside(55 - from, 3), 12);
+        }
+    }
+
+    /** Two PLANES: the second lands as the runway has ENDED and by what is PREV, is pushed 33 ticks later, and leaves. */
+    private static void besideCarriesRunways() {
+        String[] rules = {"prio 0; sep 0; hold 0;", "prio 0; sep 2; hold 0;", "prio 0; sep 9 - prev; hold 0;"};
+        int[] lands = {2, 4, 11};
+        for (int i = 0; i < rules.length; i++) {
+            WingPort x = Ports.with(2, 1, 1);
+            Ports.rule(x, rules[i]);
+            x.visit(0, 0, 90, 999);
+            x.visit(0, 0, 5, 999);
+            x.run(1);
+            CHECK.due("late by " + rules[i], x.beside(80, 0), lands[i] + 37 - 5);
+            CHECK.due("late by " + rules[i] + " again", x.beside(80, 0), lands[i] + 37 - 5);
+        }
     }
 
     /** BESIDE is by what is told now: THE RULE, FOG, SPARE crews, trucks, stands, runways. */
@@ -263,6 +319,52 @@ public final class AheadTest {
         y.visit(0, 5, 60, 99);
         y.visit(0, 5, 60, 99);
         CHECK.due("among six stands", y.plan(3, 40), 0);
+    }
+
+    /** What stood beside before does not count: a plan may be an object's first look ahead. */
+    private static void planAtOnce() {
+        WingPort x = tightPort(2);
+        CHECK.due("either PLANE on the large stand", x.plan(3, 40), 56);
+        CHECK.due("none for the first", x.planned(0), -1);
+        CHECK.due("the large one for the other", x.planned(1), 2);
+        WingPort y = Ports.with(3, 1, 1);
+        y.set(8, 2);
+        Ports.rule(y, "prio 0; sep 0; hold 0;");
+        y.visit(0, 0, 300, 999);
+        y.visit(0, 0, 300, 999);
+        CHECK.due("two PLANES in time", y.beside(40, 0), 0);
+        y.visit(3, 1, 10, 999);
+        y.visit(4, 2, 3, 999);
+        y.stand(3);
+        CHECK.due("what came behind that counts", y.plan(3, 40), 56);
+        CHECK.due("also as a wish", y.planned(1), 2);
+    }
+
+    /**
+     * A JET has held for 50 ticks, late; as two stands are built, a PLANE and a WIDE go ahead of it. If the
+     * PLANE has the lesser stand, there is none for the JET, which is late for 10 ticks more and went.
+     */
+    private static void planWhateverIsWished() {
+        int[] orders = {0, 1};
+        for (int jet : orders) {
+            int plane = 1 - jet;
+            WingPort x = Ports.with(3);
+            Ports.rule(x, "prio (kind = 3) + (kind = 0) * 2; sep 0; hold 0;");
+            x.visit(jet == 0 ? 1 : 0, jet == 0 ? 0 : 50, jet == 0 ? 1 : 300, 999);
+            x.visit(jet == 0 ? 0 : 1, jet == 0 ? 50 : 0, jet == 0 ? 300 : 1, 999);
+            x.visit(3, 50, 300, 999);
+            Ports.runTill(x, 50);
+            x.stand(2);
+            x.stand(3);
+            CHECK.due("the PLANE wishes the large one", x.wish(plane, 1), 6);
+            CHECK.due("as it is told", x.beside(40, 0), 49 + 40);
+            CHECK.due("two wishes", x.plan(3, 40), 49 + 10);
+            CHECK.due("the PLANE wishes none", x.planned(plane), -1);
+            CHECK.due("nor does the JET", x.planned(jet), -1);
+            CHECK.due("one wish", x.plan(1 << plane, 40), 49 + 10);
+            CHECK.due("it is none", x.planned(plane), -1);
+            CHECK.due("of the JET alone", x.plan(1 << jet, 40), 49 + 40);
+        }
     }
 
     /**
@@ -481,6 +583,21 @@ public final class AheadTest {
         }
     }
 
+    /** The longest way is that through all its ACTS, whatever is DONE; ICE just if it is COLD now. */
+    private static void expectsWhateverIsDone() {
+        WingPort x = Ports.with(1, 1);
+        x.set(6, 1);
+        x.visit(0, 0, 20, 999);
+        for (int tick = 0; tick < 60; tick++) {
+            CHECK.due("cold at " + tick, x.expects(0, tick), 39);
+            x.set(6, 0);
+            CHECK.due("not cold at " + tick, x.expects(0, 0), 33);
+            x.set(6, 1);
+            x.run(1);
+        }
+        CHECK.due("it is gone", x.visitTold(0, 1), 7);
+    }
+
     private static void misses() {
         WingPort x = new WingPort();
         x.visit(1, 10, 200, 99);
@@ -522,5 +639,57 @@ public final class AheadTest {
         CHECK.due("whatever became of the feed", x.misses(1, 200), 0);
         x.estimate(1, 5);
         CHECK.due("whatever became of it", x.misses(1, 200), 5);
+    }
+
+    /** THERE and the longest way, to the end of UNLOAD and to the end of LOAD, of each kind. */
+    private static void missesOfKinds() {
+        int[] rolls = {2, 2, 2, 3, 2, 3};
+        int[] unloaded = {8, 12, 8, 22, 5, 22};
+        int[] loaded = {24, 32, 21, 54, 14, 64};
+        for (int from = 0; from < 6; from++) {
+            for (int to = 0; to < 6; to++) {
+                WingPort x = new WingPort();
+                x.visit(from, 5, 9, 99);
+                x.visit(to, 100, 101, 99);
+                x.feed(0, 1, 9, 20);
+                int eta = 100 + rolls[to] + loaded[to] - rolls[from] - unloaded[from] - 20;
+                x.estimate(0, eta);
+                CHECK.due("from kind " + from + " to " + to + ": just there", x.misses(1, 0), 0);
+                x.estimate(0, eta + 1);
+                CHECK.due("from kind " + from + " to " + to + ": a tick too late", x.misses(1, 0), 9);
+            }
+        }
+    }
+
+    /** Of both visits what was told by then counts. */
+    private static void missesAsThoughtThen() {
+        WingPort x = new WingPort();
+        x.visit(1, 14, 200, 99);
+        x.visit(0, 100, 101, 99);
+        x.feed(0, 1, 5, 99);
+        CHECK.due("behind the end of LOAD", x.misses(1, 0), 5);
+        x.run(1);
+        x.estimate(1, 101);
+        CHECK.due("it comes later itself", x.misses(1, 1), 0);
+        CHECK.due("that was not told then", x.misses(1, 0), 5);
+        x.run(1);
+        x.estimate(0, 15);
+        CHECK.due("both come later", x.misses(1, 2), 5);
+        CHECK.due("by what was told ahead of that", x.misses(1, 1), 0);
+        CHECK.due("by nothing", x.misses(1, 0), 5);
+    }
+
+    /** There may be more FEEDS than VISITS. */
+    private static void missesOfManyFeeds() {
+        WingPort x = new WingPort();
+        x.visit(0, 50, 51, 99);
+        x.visit(0, 10, 11, 99);
+        int bags = 0;
+        for (int f = 0; f < 16; f++) {
+            x.feed(0, 1, f + 1, 90);
+            bags += f + 1;
+            CHECK.due("misses of " + (f + 1), x.misses(1, 0), bags);
+            CHECK.due("none to the other", x.misses(0, 0), 0);
+        }
     }
 }

@@ -300,6 +300,16 @@ public final class HostTest {
                 CHECK.due("taken(" + v + ", " + kind + ")", x.taken(v, kind), due[v][kind]);
             }
         }
+        WingPort y = new WingPort();
+        for (int v = 0; v < 12; v++) {
+            y.visit(5 - v % 6, 1, 2, 3);
+        }
+        for (int v = 0; v < 12; v++) {
+            for (int kind = 0; kind < 6; kind++) {
+                int of = 5 - v % 6;
+                CHECK.due("visit " + v + " of kind " + of + " taken for " + kind, y.taken(v, kind), due[of][kind]);
+            }
+        }
         CHECK.due("taken(6, 0)", x.taken(6, 0), NOTHING);
         CHECK.due("taken(-1, 0)", x.taken(-1, 0), NOTHING);
         CHECK.due("taken(0, 6)", x.taken(0, 6), WingPort.BAD);

@@ -7,6 +7,7 @@ public final class PortTest {
         stands();
         settings();
         settingsBelowBusy();
+        settingsWhileBusy();
         visits();
         late();
         wishes();
@@ -20,6 +21,7 @@ public final class PortTest {
         runwayTold();
         kinds();
         trucks();
+        trucksBySorts();
         constants();
         objectsApart();
         CHECK.end();
@@ -94,6 +96,26 @@ public final class PortTest {
         CHECK.due("not a number of trucks, though busy", x.set(0, -1), WingPort.BAD);
         x.run(2);
         CHECK.due("none busy", x.set(0, 0), 1);
+    }
+
+    /** STATE is for TRUCKS alone: all else may be set, whatever is BUSY. */
+    private static void settingsWhileBusy() {
+        WingPort x = Ports.with(9, 1, 1, 1);
+        x.set(5, 1);
+        x.set(7, 9);
+        x.set(8, 2);
+        for (int v = 0; v < 3; v++) {
+            x.visit(0, 0, 40, 999);
+        }
+        int[] first = {1, 0, 9, 2};
+        for (int tick = 0; tick < 60; tick++) {
+            for (int what = 5; what < 9; what++) {
+                int least = what == 8 ? 1 : 0;
+                CHECK.due("set " + what + " at " + tick, x.set(what, least), first[what - 5]);
+                CHECK.due("set " + what + " back at " + tick, x.set(what, first[what - 5]), least);
+            }
+            x.run(1);
+        }
     }
 
     private static void visits() {
@@ -290,6 +312,16 @@ public final class PortTest {
         x.run(1);
         CHECK.due("on the cart", x.feedTold(0, 3), 1);
         CHECK.due("comes", x.feedTold(0, 4), 34);
+        x.visit(0, 60, 90, 99);
+        x.visit(0, 60, 90, 99);
+        x.feed(3, 2, 8, 30);
+        x.feed(1, 3, 9, 40);
+        int[][] others = {{3, 2, 8, 0, -1}, {1, 3, 9, 0, -1}};
+        for (int f = 1; f < 3; f++) {
+            for (int what = 0; what < 5; what++) {
+                CHECK.due("feedTold(" + f + ", " + what + ")", x.feedTold(f, what), others[f - 1][what]);
+            }
+        }
         Ports.runTill(x, 34);
         CHECK.due("still on the cart", x.feedTold(0, 3), 1);
         x.run(1);
@@ -378,6 +410,17 @@ public final class PortTest {
                 x.run(1);
                 CHECK.due("sort " + row[1] + " behind " + row[2], x.trucks(row[1], 1), 0);
             }
+        }
+    }
+
+    private static void trucksBySorts() {
+        WingPort x = new WingPort();
+        for (int sort = 0; sort < 5; sort++) {
+            x.set(sort, sort + 2);
+        }
+        for (int sort = 0; sort < 5; sort++) {
+            CHECK.due("how many of sort " + sort, x.trucks(sort, 0), sort + 2);
+            CHECK.due("BUSY of sort " + sort, x.trucks(sort, 1), 0);
         }
     }
 

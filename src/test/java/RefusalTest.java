@@ -41,7 +41,7 @@ public final class RefusalTest {
     }
 
     /** Nine visits, number v in STATE v at TICK 70; and something of all else that can be told. */
-    private static WingPort busy() {
+    static WingPort busy() {
         WingPort x = Ports.with(1, 1, 2, 1, 2);
         x.set(7, 2);
         x.set(8, 2);
@@ -84,7 +84,7 @@ public final class RefusalTest {
     }
 
     /** A port that takes no more of anything. */
-    private static WingPort full() {
+    static WingPort full() {
         WingPort x = Ports.with(2, 1, 2, 3, 3, 2, 1);
         for (int v = 0; v < 12; v++) {
             x.visit(v % 6, 5 + v, 70 + v, 99);
@@ -104,7 +104,7 @@ public final class RefusalTest {
     }
 
     /** A port whose last tick but some has come. */
-    private static WingPort ended() {
+    static WingPort ended() {
         WingPort x = Ports.with(1, 1);
         x.visit(0, 9990, 9999, 99);
         x.plan(1, 5);

@@ -70,7 +70,9 @@ public final class RulesTest {
             "prio not-1;sep 1<-1;hold 1*-1;",
             "prio (((((1)))));sep -----1;hold not not not not not 1;",
             "prio -(-(-1));sep not (not (-1));hold not -(-(1));",
-            "prio (((1)))+(((((1)))));sep -----1*-----1;hold not not not not not 1 and not not not not not 1;"
+            "prio (((1)))+(((((1)))));sep -----1*-----1;hold not not not not not 1 and not not not not not 1;",
+            "prio 1 or 1 or 1 or 1 or 1 or 1 or (((((1)))));sep 1 and 1 and 1 and 1 and 1 and (((((1)))));hold 1;",
+            "prio 1*1*1*1*1*1*1*(((((1)))));sep 1+1-1+1-1+1-(((((1)))));hold (((((1)))))<(((((1)))));"
         };
         for (String text : texts) {
             CHECK.due(text, Ports.text(new WingPort(), text), 1);
@@ -140,6 +142,15 @@ public final class RulesTest {
         fault("prio not not not not not (1);", 25);
         fault("prio not -(-(not 1));", 13);
         fault("prio not not not not not 1 < -1;", 29);
+        fault("prio (1 or (((((1))))));", 15);
+        fault("prio (1 and (((((1))))));", 16);
+        fault("prio (1*(((((1))))));", 12);
+        fault("prio (1+(((((1))))));", 12);
+        fault("prio (1-(((((1))))));", 12);
+        fault("prio (1<(((((1))))));", 12);
+        fault("prio (1=(((((1))))));", 12);
+        fault("prio not 1*(((((1)))));", 15);
+        fault("prio not 1<(((((1)))));", 15);
         fault("prio not not not not not 1 + -1;", 29);
         fault("prio not (not not not 1 and -1 and - - - - -1);", 41);
     }
@@ -390,6 +401,16 @@ public final class RulesTest {
         value("3 and 4 and 0", 0);
         value("-1 < 0", 1);
         value("(2 = 2) * 10 + kind", 15);
+        value("0 or not 1", 0);
+        value("0 or 0 or not 0", 1);
+        value("7 and not 0", 1);
+        value("1 and not 1", 0);
+        value("1 + (not 1)", 1);
+        value("5 * (not 0)", 5);
+        value("3 - (not 0) - (not 7)", 2);
+        value("2 < (not 0) + 2", 1);
+        value("4 + -3", 1);
+        value("4 * (1 - -3 * -2)", -20);
         value("kind - in", 5);
     }
 
@@ -556,6 +577,12 @@ public final class RulesTest {
         int[] due = {64, 3, 2, 1, 2, 1, 3, 1, 59, 12, 4, 1, 1, 2};
         for (int what = 0; what < due.length; what++) {
             CHECK.due("count(" + what + ")", x.count(what), due[what]);
+        }
+        for (int bits = 0; bits < 4; bits++) {
+            x.set(5, bits & 1);
+            x.set(6, bits >> 1);
+            CHECK.due("FOG of " + bits, x.count(11), bits & 1);
+            CHECK.due("COLD of " + bits, x.count(12), bits >> 1);
         }
         CHECK.due("count(14)", x.count(14), WingPort.BAD);
         CHECK.due("count(-1)", x.count(-1), WingPort.BAD);

@@ -11,19 +11,27 @@ public final class TickEdgeTest {
 
     public static void main(String[] args) {
         holdsFor60();
+        holdsSinceItHolds();
         rollsByKind();
+        wishesPlayedThrough();
+        standsAreFreeAgain();
         lateBehindTheLastTick();
         freedTruckGoesToTheLeast();
         trucksOfActs();
         actsWithoutTrucks();
         carts();
         cartsOfOneVisit();
+        cartsOfManyFeeds();
         feedsOfOneThatWent();
+        missedStaysMissed();
         cartToOneThatIsGone();
         bagsInThePlaneAreWaitedFor();
         bagsThatGoAway();
         sparesByNumbers();
+        crewsForThePushAlone();
         icerByActFirst();
+        icedByOneIcer();
+        icedAgainByNumber();
         icedWhileNotColdAnyMore();
         standIsFreeInTheTick();
         oneStandForTwo();
@@ -33,8 +41,10 @@ public final class TickEdgeTest {
         prioOfTheLeast();
         apartFromNone();
         apartByRunway();
+        prevThatLeaves();
         prioBehindTheFeeds();
         fogOfOneThatWaits();
+        fogThatComesAndGoes();
         workAheadOfWant();
         lateFromEtdOn();
         lateNoMore();
@@ -89,6 +99,60 @@ public final class TickEdgeTest {
         tells("a stand a tick too late", y, 0, WENT, 60);
         CHECK.due("it takes no stand", y.standTold(1, 1), -1);
         CHECK.due("nor the runway", y.runwayTold(0, 1), -1);
+    }
+
+    /** How long it is in its STATE is t less SINCE, whenever it should have come. */
+    private static void holdsSinceItHolds() {
+        WingPort x = new WingPort();
+        x.visit(0, 0, 300, 99);
+        x.late(0, 30);
+        Ports.runTill(x, 30);
+        x.late(0, 5);
+        x.run(1);
+        tells("it should have come at 5", x, 0, HOLDS, 30);
+        CHECK.due("it comes at", x.visitTold(0, 4), 5);
+        Ports.runTill(x, 40);
+        CHECK.due("wait", x.tells(0, 0), 110);
+        Ports.runTill(x, 90);
+        tells("holds for 59 ticks", x, 0, HOLDS, 30);
+        x.run(1);
+        tells("holds for 60 ticks", x, 0, WENT, 90);
+    }
+
+    /** A visit is served alike, whichever stand it wished. */
+    private static void wishesPlayedThrough() {
+        for (int s = -1; s < 3; s++) {
+            WingPort x = Ports.with(1, 1, 2, 3);
+            x.visit(0, 0, 60, 999);
+            x.wish(0, s);
+            Ports.runTill(x, 30);
+            CHECK.due("its stand by wish " + s, x.visitTold(0, 3), Math.max(0, s));
+            CHECK.due("it is loaded by wish " + s, x.visitTold(0, 8), 32);
+            Ports.runTill(x, 67);
+            tells("gone by wish " + s, x, 0, GONE, 66);
+            CHECK.due("its wish is told still", x.visitTold(0, 9), s);
+        }
+    }
+
+    /** PUSH: its STAND is free: whatever kind it is of, whatever it is late, whichever stand that is. */
+    private static void standsAreFreeAgain() {
+        for (int kind = 0; kind < 6; kind++) {
+            for (int late : new int[] {0, 1, 7}) {
+                for (int s = 0; s < 2; s++) {
+                    String what = "kind " + kind + ", late " + late + ", stand " + s;
+                    WingPort x = Ports.with(1, 3, 3);
+                    x.visit(kind, 0, 200, 999);
+                    x.late(0, late);
+                    x.wish(0, s);
+                    Ports.runTill(x, 200);
+                    CHECK.due(what + ": has it", x.standTold(s, 1), 0);
+                    CHECK.due(what + ": the other is free", x.standTold(1 - s, 1), -1);
+                    x.run(1);
+                    CHECK.due(what + ": is free", x.standTold(s, 1), -1);
+                    CHECK.due(what + ": told", x.visitTold(0, 3), -1);
+                }
+            }
+        }
     }
 
     /** LANDS for ROLL: ROLLS. ROLLS for 4: STANDS. LEAVES for ROLL: GONE. */
@@ -253,6 +317,32 @@ public final class TickEdgeTest {
         CHECK.due("there, ahead of the plane", x.feedTold(0, 3) + x.feedTold(1, 3), 4);
     }
 
+    /** There may be more FEEDS than VISITS: each goes on its cart, is waited for, and comes or is missed. */
+    private static void cartsOfManyFeeds() {
+        WingPort x = twoRunways(2, 1, 1);
+        Ports.rule(x, "prio 0; sep 0; hold bags;");
+        x.visit(0, 0, 300, 999);
+        x.visit(0, 0, 20, 999);
+        for (int f = 0; f < 16; f++) {
+            x.feed(0, 1, f + 1, 21 + f);
+        }
+        CHECK.due("bags of 16 feeds", x.tells(1, 2), 16);
+        Ports.runTill(x, 15);
+        for (int f = 0; f < 16; f++) {
+            CHECK.due("FEED " + f + " is on its cart", x.feedTold(f, 3), 1);
+            CHECK.due("FEED " + f + " comes", x.feedTold(f, 4), 35 + f);
+        }
+        Ports.runTill(x, 36);
+        CHECK.due("held for 16 and, from 35 on, for 15", x.visitTold(1, 8), 32);
+        causes("held", x, 1, WORK, 2 + 1, BAGS, 13);
+        CHECK.due("none is missed yet", x.count(9), 0);
+        Ports.runTill(x, 51);
+        for (int f = 0; f < 16; f++) {
+            CHECK.due("FEED " + f + " came", x.feedTold(f, 3), f < 8 ? 2 : 3);
+        }
+        CHECK.due("missed", x.count(9), 9 + 10 + 11 + 12 + 13 + 14 + 15 + 16);
+    }
+
     /** If the other VISIT WENT, or one that is 0 is from one that WENT: 3. */
     private static void feedsOfOneThatWent() {
         WingPort x = Ports.with(1, 1);
@@ -270,6 +360,24 @@ public final class TickEdgeTest {
         CHECK.due("its cart is never told", x.feedTold(1, 4), -1);
         CHECK.due("of others", x.feedTold(2, 3), 0);
         CHECK.due("missed", x.count(9), 11);
+    }
+
+    /** FEEDS from it that are 0 are on their CARTS: one that is 3 is not. */
+    private static void missedStaysMissed() {
+        WingPort x = Ports.with(1, 1);
+        x.visit(0, 55, 300, 999);
+        x.visit(1, 0, 300, 999);
+        x.visit(0, 200, 300, 999);
+        x.feed(0, 1, 5, 9);
+        x.feed(0, 2, 6, 9);
+        Ports.runTill(x, 61);
+        CHECK.due("missed", x.feedTold(0, 3), 3);
+        Ports.runTill(x, 70);
+        CHECK.due("UNLOAD is done", x.visitTold(0, 6) & 2, 2);
+        CHECK.due("missed still", x.feedTold(0, 3), 3);
+        CHECK.due("it comes never", x.feedTold(0, 4), -1);
+        CHECK.due("the other is on its cart", x.feedTold(1, 3), 1);
+        CHECK.due("it comes", x.feedTold(1, 4), 69 + 9);
     }
 
     private static void cartToOneThatIsGone() {
@@ -336,6 +444,24 @@ public final class TickEdgeTest {
         CHECK.due("it isn't given back", x.set(7, 0), 8);
     }
 
+    /** CREW: PUSH, t is above LIMIT: other ACTS begin without a crew, and take none. */
+    private static void crewsForThePushAlone() {
+        for (int spare = 0; spare < 3; spare++) {
+            WingPort x = Ports.with(1, 1);
+            x.set(6, 1);
+            x.set(7, spare);
+            x.visit(0, 0, 20, 1);
+            Ports.runTill(x, 36);
+            CHECK.due("all but ICE and PUSH is done", x.visitTold(0, 6), 63);
+            CHECK.due("no crew is taken yet", x.count(10), spare);
+            causes("above LIMIT since 2", x, 0, WORK, 16);
+            x.run(1);
+            CHECK.due("PUSH of " + spare, x.visitTold(0, 8), spare == 0 ? 0 : 128);
+            CHECK.due("SPARE of " + spare, x.count(10), Math.max(0, spare - 1));
+            causes("PUSH of " + spare, x, 0, WORK, spare == 0 ? 16 : 17, CREW, spare == 0 ? 1 : 0);
+        }
+    }
+
     /** (4) is ahead of (5): an ICER goes to one that stands. */
     private static void icerByActFirst() {
         WingPort x = Ports.with(1, 1, 1);
@@ -354,6 +480,35 @@ public final class TickEdgeTest {
         Ports.runTill(x, 90);
         tells("leaves as it is iced", x, 0, LEAVES, 89);
         causes("iced", x, 0, WORK, 1, ICE, 12);
+    }
+
+    /** ICE is under way again, if an ICER isn't BUSY, and it isn't: not a second time at once. */
+    private static void icedByOneIcer() {
+        WingPort x = Ports.with(3, 1);
+        x.set(6, 1);
+        x.visit(0, 0, 76, 999);
+        for (int tick = 77; tick < 83; tick++) {
+            Ports.runTill(x, tick + 1);
+            CHECK.due("under way at " + tick, x.visitTold(0, 8), 64);
+            CHECK.due("one ICER of three at " + tick, x.trucks(4, 1), 1);
+        }
+        x.run(1);
+        tells("leaves", x, 0, LEAVES, 83);
+        CHECK.due("no ICER", x.trucks(4, 1), 0);
+    }
+
+    /** VISITS that WAIT, by numbers: also one whose number is above those of the STANDS. */
+    private static void icedAgainByNumber() {
+        WingPort x = Ports.with(1, 1);
+        x.set(6, 1);
+        x.visit(0, 500, 600, 999);
+        x.visit(0, 500, 600, 999);
+        x.visit(0, 0, 76, 999);
+        Ports.runTill(x, 78);
+        CHECK.due("under way", x.visitTold(2, 8), 64);
+        Ports.runTill(x, 84);
+        tells("leaves", x, 2, LEAVES, 83);
+        causes("iced again", x, 2, WORK, 1, ICE, 6);
     }
 
     /** READY: ... WAITS for 4 ticks, is not under way with ICE, and doesn't need it. */
@@ -550,6 +705,29 @@ public final class TickEdgeTest {
         }
     }
 
+    /** Its KIND is PREV: also that of one that leaves. */
+    private static void prevThatLeaves() {
+        WingPort x = Ports.with(1, 1, 1, 1);
+        Ports.rule(x, "prio 0; sep (prev = 2) * 30; hold 0;");
+        x.visit(2, 0, 40, 999);
+        x.visit(0, 20, 300, 999);
+        x.visit(0, 46, 300, 999);
+        Ports.runTill(x, 32);
+        tells("a PROP landed till 2", x, 1, HOLDS, 20);
+        x.run(1);
+        tells("30 behind it", x, 1, LANDS, 32);
+        Ports.runTill(x, 44);
+        CHECK.due("PREV is a PLANE", x.runwayTold(0, 1), 0);
+        x.run(1);
+        tells("the PROP leaves", x, 0, LEAVES, 44);
+        CHECK.due("PREV is a PROP again", x.runwayTold(0, 1), 2);
+        CHECK.due("till", x.runwayTold(0, 0), 46);
+        Ports.runTill(x, 76);
+        tells("29 behind it", x, 2, HOLDS, 46);
+        x.run(1);
+        tells("30 behind it again", x, 2, LANDS, 76);
+    }
+
     /** (3) is ahead of (6): what has come in this tick isn't waited for any more. */
     private static void prioBehindTheFeeds() {
         for (int cart = 29; cart <= 31; cart++) {
@@ -592,6 +770,24 @@ public final class TickEdgeTest {
         Ports.runTill(y, 45);
         tells("two runways and no FOG", y, 0, LEAVES, 44);
         CHECK.due("on runway 1", y.runwayTold(1, 0), 46);
+    }
+
+    /** 6 FOG, if FOG and 2 RUNWAYS, else 5 RUNWAY: as it is in each tick. */
+    private static void fogThatComesAndGoes() {
+        for (int runways = 1; runways < 3; runways++) {
+            WingPort x = Ports.with(1, 1, 1, 1);
+            x.set(8, runways);
+            Ports.rule(x, "prio 0; sep 20; hold 0;");
+            x.visit(0, 0, 300, 999);
+            x.visit(0, 0, 300, 999);
+            x.visit(0, 0, 1, 999);
+            for (int tick = 0; tick < 22; tick++) {
+                x.set(5, tick % 2);
+                x.run(1);
+            }
+            tells("ahead of the end of sep", x, 2, HOLDS, 0);
+            causes("runways " + runways, x, 2, FOG, runways == 2 ? 11 : 0, RUNWAY, runways == 2 ? 10 : 21);
+        }
     }
 
     /** STANDS: its least ACT that wasn't DONE: WORK, if it was under way then, else what hindered it. */

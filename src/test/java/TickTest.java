@@ -470,6 +470,7 @@ public final class TickTest {
         CHECK.due("not yet too long ago", x.visitTold(0, 8), 0);
         x.run(1);
         CHECK.due("too long ago", x.visitTold(0, 8), 64);
+        CHECK.due("nothing says that it isn't DONE any more", x.visitTold(0, 6), 255);
         CHECK.due("the icer is busy", x.trucks(4, 1), 1);
         Ports.runTill(x, 83);
         tells("waits", x, 0, 5, 76);
