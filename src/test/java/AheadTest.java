@@ -10,6 +10,7 @@ public final class AheadTest {
         besideCarriesIce();
         besideCarriesCarts();
         besideCarriesRunways();
+        besideCarriesByATick();
         besideAsTold();
         planRefuses();
         planOfOne();
@@ -23,6 +24,7 @@ public final class AheadTest {
         planChangesNothing();
         planIsKept();
         settle();
+        settleOfOthers();
         settleOfStates();
         estimates();
         expects();
@@ -171,18 +173,35 @@ public final class AheadTest {
         }
     }
 
-    /** Two PLANES: the second lands as the runway has ENDED and by what is PREV, is pushed 33 ticks later, and leaves. */
+    /** A PROP, then a PLANE: it lands as the runway has ENDED and by what is PREV, is pushed 33 ticks later, and leaves. */
     private static void besideCarriesRunways() {
         String[] rules = {"prio 0; sep 0; hold 0;", "prio 0; sep 2; hold 0;", "prio 0; sep 9 - prev; hold 0;"};
-        int[] lands = {2, 4, 11};
+        int[] lands = {2, 4, 9};
         for (int i = 0; i < rules.length; i++) {
             WingPort x = Ports.with(2, 1, 1);
             Ports.rule(x, rules[i]);
-            x.visit(0, 0, 90, 999);
+            x.visit(2, 0, 90, 999);
             x.visit(0, 0, 5, 999);
             x.run(1);
             CHECK.due("late by " + rules[i], x.beside(80, 0), lands[i] + 37 - 5);
             CHECK.due("late by " + rules[i] + " again", x.beside(80, 0), lands[i] + 37 - 5);
+        }
+    }
+
+    /** What is carried along is so to the tick: a LIMIT, and when a plane was iced. */
+    private static void besideCarriesByATick() {
+        for (int crew = 29; crew < 32; crew++) {
+            WingPort x = Ports.with(1, 1);
+            x.visit(0, 0, 20, crew);
+            x.run(5);
+            CHECK.due("PUSH at 30, LIMIT " + crew, x.beside(60, 1), crew < 30 ? 0 : 1);
+        }
+        for (int etd = 72; etd < 74; etd++) {
+            WingPort x = Ports.with(1, 1);
+            x.set(6, 1);
+            x.visit(0, 0, etd, 999);
+            Ports.runTill(x, 60);
+            CHECK.due("iced at 36, READY at " + (etd + 4), x.beside(60, 0), etd == 72 ? 4 : 4 + 6);
         }
     }
 
@@ -288,6 +307,11 @@ public final class AheadTest {
         CHECK.due("it is settled", x.settle(), 1);
         CHECK.due("it is told", x.visitTold(0, 9), 1);
         CHECK.due("as it was planned", x.beside(40, 0), 56);
+        WingPort y = tightPort(1);
+        CHECK.due("better by a tick", y.plan(1, 30), 20 + 26);
+        CHECK.due("so it is planned", y.planned(0), 1);
+        CHECK.due("better by none", y.plan(1, 29), 19 + 26);
+        CHECK.due("so it isn't", y.planned(0), -1);
         CHECK.due("ahead of what it mends", x.plan(1, 25), 15 + 22);
         CHECK.due("the first of like ones is none, whatever it wishes", x.planned(0), -1);
     }
@@ -371,29 +395,34 @@ public final class AheadTest {
      * A PLANE lands, and behind it a SHUTTLE may for long not land but behind a JET. There is a stand for
      * the JET too, but it is too small.
      */
-    private static WingPort smallPort() {
+    private static WingPort smallPort(int... kinds) {
         WingPort x = Ports.with(3, 1, 1, 1);
         Ports.rule(x, "prio kind = 1; sep (prev = 0) * (kind = 4) * 35; hold 0;");
-        x.visit(0, 0, 300, 999);
-        x.visit(1, 1, 300, 999);
-        x.visit(4, 1, 9, 999);
+        for (int kind : kinds) {
+            x.visit(kind, kind == 0 ? 0 : 1, kind == 4 ? 9 : 300, 999);
+        }
         return x;
     }
 
     private static void planOfTooSmall() {
-        WingPort x = smallPort();
-        // the SHUTTLE is late from 9 to 39: it lands at 37
-        CHECK.due("as it is told", x.beside(40, 0), 31);
-        CHECK.due("the JET can wish none", x.plan(2, 40), 31);
-        CHECK.due("it wishes none", x.planned(1), -1);
-        CHECK.due("nor as the other one of two", x.plan(3, 40), 31);
-        CHECK.due("it wishes none of two", x.planned(1), -1);
-        CHECK.due("nor as the first one of two", x.plan(6, 40), 31);
-        CHECK.due("it wishes none, the first of two", x.planned(1), -1);
-        x.stand(2);
-        // now the JET lands at 2 and the SHUTTLE at 4, and it would be gone at 33
-        CHECK.due("with a stand of its size", x.plan(2, 40), 22);
-        CHECK.due("that is so with no wish", x.planned(1), -1);
+        int[][] orders = {{0, 1, 4}, {1, 0, 4}, {0, 4, 1}, {4, 1, 0}, {1, 4, 0}, {4, 0, 1}};
+        for (int[] kinds : orders) {
+            WingPort x = smallPort(kinds);
+            int jet = kinds[0] == 1 ? 0 : kinds[1] == 1 ? 1 : 2;
+            // the SHUTTLE is late from 9 to 39: it lands at 37
+            CHECK.due("as it is told", x.beside(40, 0), 31);
+            CHECK.due("the JET can wish none", x.plan(1 << jet, 40), 31);
+            CHECK.due("it wishes none", x.planned(jet), -1);
+            for (int v = 0; v < 3; v++) {
+                CHECK.due("nor as one of two", x.plan(1 << jet | 1 << v, 40), 31);
+                CHECK.due("it wishes none of two", x.planned(jet), -1);
+                CHECK.due("nor does the other", x.planned(v), -1);
+            }
+            x.stand(2);
+            // now the JET lands at 2 and the SHUTTLE at 4, and it would be gone at 33
+            CHECK.due("with a stand of its size", x.plan(1 << jet, 40), 22);
+            CHECK.due("that is so with no wish", x.planned(jet), -1);
+        }
     }
 
     /** With no stand there is one row: all wish none. */
@@ -485,6 +514,44 @@ public final class AheadTest {
         x.run(1);
         CHECK.due("one lands", x.settle(), WingPort.STATE);
         CHECK.due("nothing is settled", x.visitTold(1, 9), 2);
+    }
+
+    /** WISHES become those of that PLAN: its own visits', whichever they are, and no others'. */
+    private static void settleOfOthers() {
+        WingPort x = tightPort(2);
+        x.plan(3, 40);
+        tellWishes(x);
+        CHECK.due("two wishes", x.settle(), 2);
+        wishes(x, -1, 2, 2, 1);
+        tellWishes(x);
+        wishes(x, 1, 0, 2, 1);
+        x.wish(0, -1);
+        x.wish(3, -1);
+        CHECK.due("the second PLANE on the large stand", x.plan(2, 40), 56);
+        tellWishes(x);
+        CHECK.due("one wish", x.settle(), 1);
+        wishes(x, 1, 2, 2, 1);
+        WingPort y = tightPort(3);
+        y.wish(0, 1);
+        CHECK.due("the last two PLANES", y.plan(6, 40), y.plan(4, 40));
+        y.plan(6, 40);
+        CHECK.due("the second wishes none", y.planned(1), -1);
+        CHECK.due("the third the large stand", y.planned(2), 3);
+        CHECK.due("two of five", y.settle(), 2);
+        wishes(y, 1, -1, 3, -1, -1);
+    }
+
+    private static void tellWishes(WingPort x) {
+        x.wish(0, 1);
+        x.wish(1, 0);
+        x.wish(2, 2);
+        x.wish(3, 1);
+    }
+
+    private static void wishes(WingPort x, int... due) {
+        for (int v = 0; v < due.length; v++) {
+            CHECK.due("WISH of " + v, x.visitTold(v, 9), due[v]);
+        }
     }
 
     /** STATE: one isn't DUE, nor HOLDS any more. */
@@ -649,14 +716,18 @@ public final class AheadTest {
         for (int from = 0; from < 6; from++) {
             for (int to = 0; to < 6; to++) {
                 WingPort x = new WingPort();
-                x.visit(from, 5, 9, 99);
-                x.visit(to, 100, 101, 99);
-                x.feed(0, 1, 9, 20);
+                int one = (from + to) % 3;
+                int other = (one + 1 + to % 2) % 3;
+                for (int v = 0; v < 3; v++) {
+                    x.visit(v == one ? from : v == other ? to : 0, v == other ? 100 : 5, 101, 99);
+                }
+                x.feed(one, other, 9, 20);
                 int eta = 100 + rolls[to] + loaded[to] - rolls[from] - unloaded[from] - 20;
-                x.estimate(0, eta);
-                CHECK.due("from kind " + from + " to " + to + ": just there", x.misses(1, 0), 0);
-                x.estimate(0, eta + 1);
-                CHECK.due("from kind " + from + " to " + to + ": a tick too late", x.misses(1, 0), 9);
+                x.estimate(one, eta);
+                CHECK.due("from kind " + from + " to " + to + ": just there", x.misses(other, 0), 0);
+                x.estimate(one, eta + 1);
+                CHECK.due("from kind " + from + " to " + to + ": a tick too late", x.misses(other, 0), 9);
+                CHECK.due("none to the other", x.misses(one, 0), 0);
             }
         }
     }

@@ -17,6 +17,8 @@ public final class RulesTest {
         force();
         firstRule();
         values();
+        deepValues();
+        longChains();
         wrapping();
         names();
         namesInATick();
@@ -412,6 +414,45 @@ public final class RulesTest {
         value("4 + -3", 1);
         value("4 * (1 - -3 * -2)", -20);
         value("kind - in", 5);
+    }
+
+    /** As deep as five ( go, what stands ahead of each kept till it ends. */
+    private static void deepValues() {
+        value("1 + 2 * (3 - kind)", -3);
+        value("1 + 2 * (3 - 4 * (kind - 6))", 15);
+        value("1+2*(3+4*(5+6*(7+8*(9+kind))))", 5759);
+        value("1+2*(3+4*(5+6*(7+8*(9+1*(2+kind)))))", 6527);
+        value("1<2+3*(4=5*(6+7*(1 and in)))", 1);
+        value("2<2+3*(30=5*(6+7*(1 and in)))", 1);
+        value("2<2+3*(4=5*(6+7*(1 and in)))", 0);
+        value("0 or 1 and 2<3+4*(0 or 1 and 2<3+4*(kind=5 and 7<8*kind))", 1);
+        value("0 or 1 and 8<3+4*(0 or 1 and 2<3+4*(kind=4 or 7<8*(in)))", 0);
+        value("2-(3-(4-(5-(6-kind))))", -1);
+        value("2-(3-(4-(5-(6-(7-kind)))))", 2);
+        value("2--(3--(4-5))*-(not 0)", 0);
+        value("9--(3--(4-5))*(not 0)", 11);
+    }
+
+    /** { } as often as the tape holds. */
+    private static void longChains() {
+        String[] signs = {" or ", " and ", "+", "-", "*"};
+        for (String sign : signs) {
+            for (int last = 0; last < 3; last++) {
+                StringBuilder sum = new StringBuilder();
+                String one = sign.equals(" or ") ? "0" : "1";
+                int ones = 0;
+                while (sum.length() + sign.length() < 135) {
+                    sum.append(one).append(sign);
+                    ones++;
+                }
+                int[] due = {last > 0 ? 1 : 0, last > 0 ? 1 : 0, ones + last, 2 - ones - last, last};
+                for (int i = 0; i < signs.length; i++) {
+                    if (signs[i].equals(sign)) {
+                        value(sum.append(last).toString(), due[i]);
+                    }
+                }
+            }
+        }
     }
 
     private static void wrapping() {

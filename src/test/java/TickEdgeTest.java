@@ -18,6 +18,7 @@ public final class TickEdgeTest {
         lateBehindTheLastTick();
         freedTruckGoesToTheLeast();
         trucksOfActs();
+        oneTruckForTwo();
         actsWithoutTrucks();
         carts();
         cartsOfOneVisit();
@@ -27,10 +28,13 @@ public final class TickEdgeTest {
         cartToOneThatIsGone();
         bagsInThePlaneAreWaitedFor();
         bagsThatGoAway();
+        heldByItsOwnHold();
         sparesByNumbers();
+        crewsByATick();
         crewsForThePushAlone();
         icerByActFirst();
         icedByOneIcer();
+        noIcerByATick();
         icedAgainByNumber();
         icedWhileNotColdAnyMore();
         standIsFreeInTheTick();
@@ -39,6 +43,7 @@ public final class TickEdgeTest {
         runwaysByNumbers();
         sepOfTheLargest();
         prioOfTheLeast();
+        prioByRunway();
         apartFromNone();
         apartByRunway();
         prevThatLeaves();
@@ -241,6 +246,32 @@ public final class TickEdgeTest {
         }
     }
 
+    /** WANT: no TRUCK of its sort that isn't BUSY, whatever is BUSY of other sorts. */
+    private static void oneTruckForTwo() {
+        int[] act = {0, 3, 4, 7, 6};
+        int[] begins = {6, 14, 18, 36, 30};
+        int[] lasts = {2, 5, 4, 3, 6};
+        for (int sort = 0; sort < 5; sort++) {
+            WingPort x = twoRunways(2, 1, 1);
+            x.set(6, 1);
+            x.set(sort, 1);
+            x.visit(0, 0, 20, 999);
+            x.visit(0, 0, 20, 999);
+            for (int tick = begins[sort]; tick < begins[sort] + 2 * lasts[sort]; tick++) {
+                String what = "sort " + sort + " at " + tick + ": visit ";
+                boolean first = tick < begins[sort] + lasts[sort];
+                Ports.runTill(x, tick + 1);
+                CHECK.due(what + 0, x.visitTold(0, 8) >> act[sort] & 1, first ? 1 : 0);
+                CHECK.due(what + 1, x.visitTold(1, 8) >> act[sort] & 1, first ? 0 : 1);
+                CHECK.due(what + 1 + " is done", x.visitTold(1, 6) >> act[sort] & 1, 0);
+                CHECK.due("BUSY of " + what, x.trucks(sort, 1), 1);
+            }
+            x.run(1);
+            CHECK.due("sort " + sort + ": both are done", x.visitTold(1, 6) >> act[sort] & 1, 1);
+            CHECK.due("sort " + sort + ": none is BUSY", x.trucks(sort, 1), 0);
+        }
+    }
+
     /** UNLOAD, CLEAN and LOAD begin while no truck of any sort is free. */
     private static void actsWithoutTrucks() {
         WingPort x = Ports.with(1, 1);
@@ -421,6 +452,51 @@ public final class TickEdgeTest {
         CHECK.due("bags from it aren't waited for", x.visitTold(1, 8), 32);
     }
 
+    /** Below ETD and what hold says of it, whichever number it has. */
+    private static void heldByItsOwnHold() {
+        int[][] orders = {{2, 1, 3}, {1, 2, 3}, {1, 3, 2}, {3, 2, 1}};
+        for (int[] kinds : orders) {
+            WingPort x = Ports.with(9, 1, 3, 3);
+            x.set(8, 2);
+            Ports.rule(x, "prio 0; sep 0; hold kind * 5;");
+            int prop = 0;
+            int jet = 0;
+            for (int v = 0; v < 3; v++) {
+                prop = kinds[v] == 2 ? v : prop;
+                jet = kinds[v] == 1 ? v : jet;
+                x.visit(kinds[v], kinds[v] == 2 ? 0 : 90, kinds[v] == 2 ? 24 : 300, 999);
+            }
+            x.feed(jet, prop, 5, 99);
+            Ports.runTill(x, 34);
+            CHECK.due("held for 10, number " + prop, x.visitTold(prop, 8), 0);
+            x.run(1);
+            CHECK.due("and no longer, number " + prop, x.visitTold(prop, 8), 32);
+            causes("held", x, prop, BAGS, 10, WORK, 1);
+        }
+    }
+
+    /** CREW: t is above LIMIT, and there is no SPARE crew: at LIMIT it begins, a tick later it doesn't. */
+    private static void crewsByATick() {
+        for (int crew = 28; crew < 32; crew++) {
+            WingPort x = Ports.with(1, 1);
+            x.visit(0, 0, 20, crew);
+            Ports.runTill(x, 31);
+            CHECK.due("PUSH at 30 by LIMIT " + crew, x.visitTold(0, 8), crew < 30 ? 0 : 128);
+            CHECK.due("SPARE by LIMIT " + crew, x.count(10), 0);
+            causes("LIMIT " + crew, x, 0, WORK, crew < 30 ? 10 : 11, CREW, crew < 30 ? 1 : 0);
+            WingPort y = Ports.with(1, 1);
+            y.visit(0, 0, 20, crew - 7);
+            y.late(0, 7);
+            Ports.runTill(y, 38);
+            CHECK.due("PUSH at 37 by LIMIT " + crew + ", late", y.visitTold(0, 8), 0);
+            WingPort z = Ports.with(1, 1);
+            z.visit(0, 0, 20, crew);
+            z.late(0, 7);
+            Ports.runTill(z, 38);
+            CHECK.due("PUSH at 37 by LIMIT " + (crew + 7), z.visitTold(0, 8), crew < 30 ? 0 : 128);
+        }
+    }
+
     /** PUSH above LIMIT takes a SPARE crew. */
     private static void sparesByNumbers() {
         WingPort x = twoRunways(3, 1, 1, 1);
@@ -495,6 +571,21 @@ public final class TickEdgeTest {
         x.run(1);
         tells("leaves", x, 0, LEAVES, 83);
         CHECK.due("no ICER", x.trucks(4, 1), 0);
+    }
+
+    /** More than 40 ticks ago: READY by a tick, or not, while there is no ICER. */
+    private static void noIcerByATick() {
+        for (int etd = 71; etd < 74; etd++) {
+            WingPort x = Ports.with(1, 1);
+            x.set(6, 1);
+            x.visit(0, 0, etd, 999);
+            Ports.runTill(x, etd + 4);
+            CHECK.due("no ICER any more", x.set(4, 0), 1);
+            x.run(1);
+            boolean fine = etd + 4 <= 36 + 40;
+            tells("etd " + etd, x, 0, fine ? LEAVES : WAITS, fine ? etd + 4 : etd);
+            causes("etd " + etd, x, 0, WORK, 4, ICE, fine ? 0 : 1);
+        }
     }
 
     /** VISITS that WAIT, by numbers: also one whose number is above those of the STANDS. */
@@ -589,6 +680,13 @@ public final class TickEdgeTest {
         y.run(1);
         CHECK.due("its wish, of like ones not the least", y.visitTold(0, 3), 2);
         CHECK.due("the least of like ones is left", y.visitTold(1, 3), 1);
+        for (int s = 0; s < 3; s++) {
+            WingPort w = twoRunways(1, 3, 2, 1);
+            w.visit(0, 0, 300, 999);
+            w.wish(0, s);
+            w.run(1);
+            CHECK.due("its wish, though it is not the least size", w.visitTold(0, 3), s);
+        }
         WingPort z = twoRunways(1, 3, 2, 2);
         z.visit(1, 0, 300, 999);
         z.wish(0, 0);
@@ -657,6 +755,32 @@ public final class TickEdgeTest {
         tells("the least int", x, 0, HOLDS, 0);
         x.run(2);
         tells("the least int, alone", x, 0, LANDS, 2);
+        WingPort y = Ports.with(1, 1, 1);
+        Ports.rule(y, "prio " + LARGEST + "-kind; sep 0; hold 0;");
+        y.visit(2, 0, 300, 999);
+        y.visit(0, 0, 300, 999);
+        y.run(1);
+        tells("the largest int itself", y, 1, LANDS, 0);
+        tells("two less", y, 0, HOLDS, 0);
+    }
+
+    /** prio is asked for with the PREV of the runway that is given, not of the other one. */
+    private static void prioByRunway() {
+        WingPort x = Ports.with(1, 1, 3, 1, 2, 1);
+        x.set(8, 2);
+        Ports.rule(x, "prio (prev = 3) * (kind = 1); sep 0; hold 0;");
+        x.visit(0, 0, 300, 999);
+        x.visit(3, 0, 300, 999);
+        x.visit(2, 3, 300, 999);
+        x.visit(1, 3, 300, 999);
+        x.visit(0, 2, 300, 999);
+        x.run(4);
+        CHECK.due("a PLANE behind a PLANE on runway 0", x.runwayTold(0, 0), 4);
+        tells("a JET behind the WIDE", x, 3, LANDS, 3);
+        CHECK.due("on runway 1", x.runwayTold(1, 1), 1);
+        tells("though the PROP's number is less", x, 2, HOLDS, 3);
+        x.run(1);
+        tells("then the PROP", x, 2, LANDS, 4);
     }
 
     /** What sep says is asked for just if there is a PREV, of this runway, and below 0 it is 0. */
