@@ -38,6 +38,7 @@ public final class ReadmeTest {
         Map<String, List<String>> rows = calls(page);
         refusals(rows);
         numbers(page);
+        trucks(page);
         kinds(page);
         firstRule(page);
         tests(page);
@@ -156,23 +157,40 @@ public final class ReadmeTest {
         return rows;
     }
 
-    private static void numbers(String page) {
-        String doc = "";
-        try {
-            doc = Files.readString(Path.of("../shared/DOC.md"));
-        } catch (java.io.IOException e) {
-            CHECK.holds("the document is there", false);
-        }
-        List<List<String>> rows = table(page, "number");
-        CHECK.due("numbers", rows.size(), 9);
-        int[] many = {5, 8, 9, 9};
-        for (int n = 0; n < rows.size(); n++) {
-            CHECK.holds("number " + n, rows.get(n).get(0).equals("" + n));
-            for (int column = 0; column < many.length; column++) {
-                String name = rows.get(n).get(column + 1);
-                CHECK.holds("number " + n + " is " + name, name.isEmpty() == (n >= many[column]));
-                CHECK.holds(n + " " + name + " is the document's", name.isEmpty() || doc.contains(n + " " + name));
+    /** Numbers and names are the document's, and its "0 DUE" stands for DUE being 0. */
+    private static void numbers(String page) throws Exception {
+        String doc = Files.readString(Path.of("../shared/DOC.md"));
+        String[] heads = {"state", "act", "cause"};
+        int[] many = {9, 8, 9};
+        for (int i = 0; i < heads.length; i++) {
+            List<List<String>> rows = table(page, heads[i]);
+            CHECK.due(heads[i] + "s", rows.size(), many[i]);
+            for (int n = 0; n < rows.size(); n++) {
+                String told = n + " " + rows.get(n).get(1);
+                CHECK.holds(told, rows.get(n).get(0).equals("" + n));
+                CHECK.holds(told + " is the document's", Pattern.compile("\\b" + told + "\\b").matcher(doc).find());
             }
+        }
+    }
+
+    /** Without trucks of a sort just those acts stay undone that need one, or come behind such. */
+    private static void trucks(String page) {
+        List<List<String>> rows = table(page, "act");
+        for (int sort = 0; sort < 5; sort++) {
+            int undone = 0;
+            for (int act = 0; act < rows.size(); act++) {
+                boolean hindered = rows.get(act).get(2).startsWith("" + sort);
+                for (String ahead : rows.get(act).get(3).split(" ")) {
+                    hindered |= !ahead.isEmpty() && (undone >> Integer.parseInt(ahead) & 1) == 1;
+                }
+                undone |= hindered ? 1 << act : 0;
+            }
+            WingPort x = Ports.with(1, 1);
+            x.set(6, 1);
+            x.set(sort, 0);
+            x.visit(0, 0, 20, 999);
+            x.run(200);
+            CHECK.due("acts without trucks of sort " + sort, x.visitTold(0, 6), 255 & ~undone);
         }
     }
 
