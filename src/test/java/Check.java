@@ -24,6 +24,26 @@ final class Check {
         }
     }
 
+    /** A visit is in such a STATE since such a tick. */
+    void tells(String what, WingPort x, int v, int state, int since) {
+        due(what + ": state", x.visitTold(v, 1), state);
+        due(what + ": since", x.visitTold(v, 2), since);
+    }
+
+    /** The late ticks of a visit are these by causes, and no others. */
+    void causes(String what, WingPort x, int v, int... pairs) {
+        int[] due = new int[9];
+        int all = 0;
+        for (int i = 0; i < pairs.length; i += 2) {
+            due[pairs[i]] = pairs[i + 1];
+            all += pairs[i + 1];
+        }
+        for (int c = 0; c < 9; c++) {
+            due(what + ": cause(" + v + ", " + c + ")", x.cause(v, c), due[c]);
+        }
+        due(what + ": late ticks of " + v, x.visitTold(v, 7), all);
+    }
+
     /** Ends the test; one that asked nothing has failed. */
     void end() {
         System.out.println(title + ": " + asked + " asked, " + wrong + " wrong");

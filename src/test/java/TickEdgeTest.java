@@ -64,25 +64,6 @@ public final class TickEdgeTest {
         return x;
     }
 
-    private static void tells(String what, WingPort x, int v, int state, int since) {
-        CHECK.due(what + ": state", x.visitTold(v, 1), state);
-        CHECK.due(what + ": since", x.visitTold(v, 2), since);
-    }
-
-    /** The late ticks of a visit are these by causes, and no others. */
-    private static void causes(String what, WingPort x, int v, int... pairs) {
-        int[] due = new int[9];
-        int all = 0;
-        for (int i = 0; i < pairs.length; i += 2) {
-            due[pairs[i]] = pairs[i + 1];
-            all += pairs[i + 1];
-        }
-        for (int c = 0; c < 9; c++) {
-            CHECK.due(what + ": cause(" + v + ", " + c + ")", x.cause(v, c), due[c]);
-        }
-        CHECK.due(what + ": late ticks of " + v, x.visitTold(v, 7), all);
-    }
-
     /** HOLDS for 60 ticks: WENT, and that comes ahead of the runways. */
     private static void holdsFor60() {
         WingPort x = Ports.with(1, 2);
@@ -91,17 +72,17 @@ public final class TickEdgeTest {
         Ports.runTill(x, 59);
         x.stand(3);
         x.run(1);
-        tells("lands in the last tick", x, 0, LANDS, 59);
+        CHECK.tells("lands in the last tick", x, 0, LANDS, 59);
         Ports.runTill(x, 67);
-        tells("holds for 59 ticks", x, 1, HOLDS, 7);
+        CHECK.tells("holds for 59 ticks", x, 1, HOLDS, 7);
         x.run(1);
-        tells("holds for 60 ticks", x, 1, WENT, 67);
+        CHECK.tells("holds for 60 ticks", x, 1, WENT, 67);
         WingPort y = Ports.with(1, 2);
         y.visit(3, 0, 300, 99);
         Ports.runTill(y, 60);
         y.stand(3);
         y.run(1);
-        tells("a stand a tick too late", y, 0, WENT, 60);
+        CHECK.tells("a stand a tick too late", y, 0, WENT, 60);
         CHECK.due("it takes no stand", y.standTold(1, 1), -1);
         CHECK.due("nor the runway", y.runwayTold(0, 1), -1);
     }
@@ -114,14 +95,14 @@ public final class TickEdgeTest {
         Ports.runTill(x, 30);
         x.late(0, 5);
         x.run(1);
-        tells("it should have come at 5", x, 0, HOLDS, 30);
+        CHECK.tells("it should have come at 5", x, 0, HOLDS, 30);
         CHECK.due("it comes at", x.visitTold(0, 4), 5);
         Ports.runTill(x, 40);
         CHECK.due("wait", x.tells(0, 0), 110);
         Ports.runTill(x, 90);
-        tells("holds for 59 ticks", x, 0, HOLDS, 30);
+        CHECK.tells("holds for 59 ticks", x, 0, HOLDS, 30);
         x.run(1);
-        tells("holds for 60 ticks", x, 0, WENT, 90);
+        CHECK.tells("holds for 60 ticks", x, 0, WENT, 90);
     }
 
     /** A visit is served alike, whichever stand it wished. */
@@ -134,7 +115,7 @@ public final class TickEdgeTest {
             CHECK.due("its stand by wish " + s, x.visitTold(0, 3), Math.max(0, s));
             CHECK.due("it is loaded by wish " + s, x.visitTold(0, 8), 32);
             Ports.runTill(x, 67);
-            tells("gone by wish " + s, x, 0, GONE, 66);
+            CHECK.tells("gone by wish " + s, x, 0, GONE, 66);
             CHECK.due("its wish is told still", x.visitTold(0, 9), s);
         }
     }
@@ -169,22 +150,22 @@ public final class TickEdgeTest {
             WingPort x = Ports.with(1, 3);
             x.visit(kind, 0, 200, 999);
             Ports.runTill(x, roll);
-            tells(name + " lands", x, 0, LANDS, 0);
+            CHECK.tells(name + " lands", x, 0, LANDS, 0);
             CHECK.due(name + " ends", x.runwayTold(0, 0), roll);
             x.run(1);
-            tells(name + " rolls", x, 0, ROLLS, roll);
+            CHECK.tells(name + " rolls", x, 0, ROLLS, roll);
             Ports.runTill(x, roll + 4);
-            tells(name + " rolls still", x, 0, ROLLS, roll);
+            CHECK.tells(name + " rolls still", x, 0, ROLLS, roll);
             x.run(1);
-            tells(name + " stands", x, 0, STANDS, roll + 4);
+            CHECK.tells(name + " stands", x, 0, STANDS, roll + 4);
             Ports.runTill(x, 204);
-            tells(name + " waits", x, 0, WAITS, 200);
+            CHECK.tells(name + " waits", x, 0, WAITS, 200);
             Ports.runTill(x, 204 + roll);
-            tells(name + " leaves", x, 0, LEAVES, 204);
+            CHECK.tells(name + " leaves", x, 0, LEAVES, 204);
             CHECK.due(name + " ends again", x.runwayTold(0, 0), 204 + roll);
             CHECK.due(name + " is PREV", x.runwayTold(0, 1), kind);
             x.run(1);
-            tells(name + " is gone", x, 0, GONE, 204 + roll);
+            CHECK.tells(name + " is gone", x, 0, GONE, 204 + roll);
         }
     }
 
@@ -198,9 +179,9 @@ public final class TickEdgeTest {
         CHECK.due("comes behind 9999", x.visitTold(0, 4), 10997);
         CHECK.due("limit behind 9999", x.visitTold(0, 10), 11996);
         Ports.runTill(x, 9999);
-        tells("due for ever", x, 0, DUE, 9800);
-        causes("etd 9999 is never come", x, 0);
-        causes("etd 9990", x, 1, ARRIVAL, 9);
+        CHECK.tells("due for ever", x, 0, DUE, 9800);
+        CHECK.causes("etd 9999 is never come", x, 0);
+        CHECK.causes("etd 9990", x, 1, ARRIVAL, 9);
     }
 
     /** VISITS by numbers: whoever waits longer. */
@@ -236,13 +217,13 @@ public final class TickEdgeTest {
             Ports.runTill(x, 61);
             CHECK.due(what + ": done", x.visitTold(0, 6), done[sort]);
             CHECK.due(what + ": under way", x.visitTold(0, 8), 0);
-            causes(what, x, 0, WANT, 1);
+            CHECK.causes(what, x, 0, WANT, 1);
             x.set(sort, 1);
             x.run(1);
             CHECK.due("one of sort " + sort, x.visitTold(0, 8), bit[sort]);
             CHECK.due("it is BUSY", x.trucks(sort, 1), 1);
             CHECK.due("it can't be taken away", x.set(sort, 0), WingPort.STATE);
-            causes("one of sort " + sort, x, 0, WANT, 1, WORK, 1);
+            CHECK.causes("one of sort " + sort, x, 0, WANT, 1, WORK, 1);
         }
     }
 
@@ -365,7 +346,7 @@ public final class TickEdgeTest {
         }
         Ports.runTill(x, 36);
         CHECK.due("held for 16 and, from 35 on, for 15", x.visitTold(1, 8), 32);
-        causes("held", x, 1, WORK, 2 + 1, BAGS, 13);
+        CHECK.causes("held", x, 1, WORK, 2 + 1, BAGS, 13);
         CHECK.due("none is missed yet", x.count(9), 0);
         Ports.runTill(x, 51);
         for (int f = 0; f < 16; f++) {
@@ -436,10 +417,10 @@ public final class TickEdgeTest {
             Ports.runTill(x, 40 + hold);
             CHECK.due("held by " + hold, x.visitTold(1, 8), 0);
             CHECK.due("all is done but LOAD", x.visitTold(1, 6), 31);
-            causes("held by " + hold, x, 1, BAGS, hold);
+            CHECK.causes("held by " + hold, x, 1, BAGS, hold);
             x.run(1);
             CHECK.due("no longer than " + hold, x.visitTold(1, 8), 32);
-            causes("loaded by " + hold, x, 1, BAGS, hold, WORK, 1);
+            CHECK.causes("loaded by " + hold, x, 1, BAGS, hold, WORK, 1);
         }
     }
 
@@ -471,7 +452,7 @@ public final class TickEdgeTest {
             CHECK.due("held for 10, number " + prop, x.visitTold(prop, 8), 0);
             x.run(1);
             CHECK.due("and no longer, number " + prop, x.visitTold(prop, 8), 32);
-            causes("held", x, prop, BAGS, 10, WORK, 1);
+            CHECK.causes("held", x, prop, BAGS, 10, WORK, 1);
         }
     }
 
@@ -483,7 +464,7 @@ public final class TickEdgeTest {
             Ports.runTill(x, 31);
             CHECK.due("PUSH at 30 by LIMIT " + crew, x.visitTold(0, 8), crew < 30 ? 0 : 128);
             CHECK.due("SPARE by LIMIT " + crew, x.count(10), 0);
-            causes("LIMIT " + crew, x, 0, WORK, crew < 30 ? 10 : 11, CREW, crew < 30 ? 1 : 0);
+            CHECK.causes("LIMIT " + crew, x, 0, WORK, crew < 30 ? 10 : 11, CREW, crew < 30 ? 1 : 0);
             WingPort y = Ports.with(1, 1);
             y.visit(0, 0, 20, crew - 7);
             y.late(0, 7);
@@ -505,13 +486,13 @@ public final class TickEdgeTest {
         x.visit(0, 0, 20, 29);
         x.visit(0, 0, 20, 29);
         Ports.runTill(x, 32);
-        tells("the third a sep later", x, 2, STANDS, 8);
+        CHECK.tells("the third a sep later", x, 2, STANDS, 8);
         CHECK.due("at its LIMIT by its own crew", x.visitTold(0, 8), 128);
         CHECK.due("above it by a SPARE one", x.visitTold(1, 8), 128);
         CHECK.due("that is taken", x.count(10), 0);
         Ports.runTill(x, 34);
         CHECK.due("none for the third", x.visitTold(2, 8), 0);
-        causes("none for the third", x, 2, WORK, 12, CREW, 2);
+        CHECK.causes("none for the third", x, 2, WORK, 12, CREW, 2);
         x.set(7, 9);
         x.run(1);
         CHECK.due("one of nine", x.count(10), 8);
@@ -530,11 +511,11 @@ public final class TickEdgeTest {
             Ports.runTill(x, 36);
             CHECK.due("all but ICE and PUSH is done", x.visitTold(0, 6), 63);
             CHECK.due("no crew is taken yet", x.count(10), spare);
-            causes("above LIMIT since 2", x, 0, WORK, 16);
+            CHECK.causes("above LIMIT since 2", x, 0, WORK, 16);
             x.run(1);
             CHECK.due("PUSH of " + spare, x.visitTold(0, 8), spare == 0 ? 0 : 128);
             CHECK.due("SPARE of " + spare, x.count(10), Math.max(0, spare - 1));
-            causes("PUSH of " + spare, x, 0, WORK, spare == 0 ? 16 : 17, CREW, spare == 0 ? 1 : 0);
+            CHECK.causes("PUSH of " + spare, x, 0, WORK, spare == 0 ? 16 : 17, CREW, spare == 0 ? 1 : 0);
         }
     }
 
@@ -545,17 +526,17 @@ public final class TickEdgeTest {
         x.visit(0, 0, 76, 999);
         x.visit(0, 47, 300, 999);
         Ports.runTill(x, 77);
-        tells("iced 40 ticks ago", x, 0, WAITS, 76);
-        causes("iced 40 ticks ago", x, 0, WORK, 1);
+        CHECK.tells("iced 40 ticks ago", x, 0, WAITS, 76);
+        CHECK.causes("iced 40 ticks ago", x, 0, WORK, 1);
         x.run(1);
         CHECK.due("the one that stands is iced", x.visitTold(1, 8), 64);
         CHECK.due("the one that waits isn't", x.visitTold(0, 8), 0);
-        causes("iced 41 ticks ago", x, 0, WORK, 1, ICE, 1);
+        CHECK.causes("iced 41 ticks ago", x, 0, WORK, 1, ICE, 1);
         Ports.runTill(x, 84);
         CHECK.due("then it is", x.visitTold(0, 8), 64);
         Ports.runTill(x, 90);
-        tells("leaves as it is iced", x, 0, LEAVES, 89);
-        causes("iced", x, 0, WORK, 1, ICE, 12);
+        CHECK.tells("leaves as it is iced", x, 0, LEAVES, 89);
+        CHECK.causes("iced", x, 0, WORK, 1, ICE, 12);
     }
 
     /** ICE is under way again, if an ICER isn't BUSY, and it isn't: not a second time at once. */
@@ -569,7 +550,7 @@ public final class TickEdgeTest {
             CHECK.due("one ICER of three at " + tick, x.trucks(4, 1), 1);
         }
         x.run(1);
-        tells("leaves", x, 0, LEAVES, 83);
+        CHECK.tells("leaves", x, 0, LEAVES, 83);
         CHECK.due("no ICER", x.trucks(4, 1), 0);
     }
 
@@ -583,8 +564,8 @@ public final class TickEdgeTest {
             CHECK.due("no ICER any more", x.set(4, 0), 1);
             x.run(1);
             boolean fine = etd + 4 <= 36 + 40;
-            tells("etd " + etd, x, 0, fine ? LEAVES : WAITS, fine ? etd + 4 : etd);
-            causes("etd " + etd, x, 0, WORK, 4, ICE, fine ? 0 : 1);
+            CHECK.tells("etd " + etd, x, 0, fine ? LEAVES : WAITS, fine ? etd + 4 : etd);
+            CHECK.causes("etd " + etd, x, 0, WORK, 4, ICE, fine ? 0 : 1);
         }
     }
 
@@ -598,8 +579,8 @@ public final class TickEdgeTest {
         Ports.runTill(x, 78);
         CHECK.due("under way", x.visitTold(2, 8), 64);
         Ports.runTill(x, 84);
-        tells("leaves", x, 2, LEAVES, 83);
-        causes("iced again", x, 2, WORK, 1, ICE, 6);
+        CHECK.tells("leaves", x, 2, LEAVES, 83);
+        CHECK.causes("iced again", x, 2, WORK, 1, ICE, 6);
     }
 
     /** READY: ... WAITS for 4 ticks, is not under way with ICE, and doesn't need it. */
@@ -610,22 +591,22 @@ public final class TickEdgeTest {
         Ports.runTill(x, 102);
         x.set(6, 0);
         Ports.runTill(x, 106);
-        tells("under way, though it isn't COLD", x, 0, WAITS, 100);
+        CHECK.tells("under way, though it isn't COLD", x, 0, WAITS, 100);
         x.run(1);
-        tells("leaves", x, 0, LEAVES, 106);
-        causes("under way", x, 0, ICE, 6);
+        CHECK.tells("leaves", x, 0, LEAVES, 106);
+        CHECK.causes("under way", x, 0, ICE, 6);
         WingPort y = Ports.with(1, 1);
         y.visit(0, 0, 100, 999);
         Ports.runTill(y, 102);
         y.set(6, 1);
         y.set(4, 0);
         y.run(1);
-        causes("needed in its first ticks", y, 0, WORK, 2, ICE, 1);
+        CHECK.causes("needed in its first ticks", y, 0, WORK, 2, ICE, 1);
         y.set(6, 0);
         y.run(1);
-        causes("not needed any more", y, 0, WORK, 3, ICE, 1);
+        CHECK.causes("not needed any more", y, 0, WORK, 3, ICE, 1);
         y.run(1);
-        tells("as if nothing was", y, 0, LEAVES, 104);
+        CHECK.tells("as if nothing was", y, 0, LEAVES, 104);
     }
 
     /** PUSH: its STAND is free, ahead of the runways. */
@@ -634,15 +615,15 @@ public final class TickEdgeTest {
         x.visit(0, 0, 50, 999);
         x.visit(0, 45, 49, 999);
         Ports.runTill(x, 50);
-        tells("its stand isn't free", x, 1, HOLDS, 45);
-        causes("its stand isn't free", x, 1, STAND, 1);
+        CHECK.tells("its stand isn't free", x, 1, HOLDS, 45);
+        CHECK.causes("its stand isn't free", x, 1, STAND, 1);
         x.run(1);
-        tells("pushed", x, 0, WAITS, 50);
+        CHECK.tells("pushed", x, 0, WAITS, 50);
         CHECK.due("has no stand any more", x.visitTold(0, 3), -1);
-        tells("lands", x, 1, LANDS, 50);
+        CHECK.tells("lands", x, 1, LANDS, 50);
         CHECK.due("on that stand", x.visitTold(1, 3), 0);
         CHECK.due("it has the stand", x.standTold(0, 1), 1);
-        causes("lands", x, 1, STAND, 1, ARRIVAL, 1);
+        CHECK.causes("lands", x, 1, STAND, 1, ARRIVAL, 1);
     }
 
     /** HOLDS: STAND, if it has none (now): what has gone in this tick is gone. */
@@ -653,11 +634,11 @@ public final class TickEdgeTest {
         x.late(0, 5);
         x.late(1, 5);
         Ports.runTill(x, 6);
-        tells("the first lands", x, 0, LANDS, 5);
-        tells("the other has no stand", x, 1, HOLDS, 5);
+        CHECK.tells("the first lands", x, 0, LANDS, 5);
+        CHECK.tells("the other has no stand", x, 1, HOLDS, 5);
         CHECK.due("the other runway is free", x.runwayTold(1, 1), -1);
-        causes("the first", x, 0, ARRIVAL, 5);
-        causes("the other", x, 1, ARRIVAL, 4, STAND, 1);
+        CHECK.causes("the first", x, 0, ARRIVAL, 5);
+        CHECK.causes("the other", x, 1, ARRIVAL, 4, STAND, 1);
     }
 
     /** Its WISH, if that is free (and told), else of all that are free and of its SIZE at least ... */
@@ -667,8 +648,8 @@ public final class TickEdgeTest {
         x.visit(3, 0, 5, 999);
         x.wish(1, 0);
         Ports.runTill(x, 9);
-        tells("its wish isn't free, others are too small", x, 1, HOLDS, 0);
-        causes("no stand", x, 1, STAND, 4);
+        CHECK.tells("its wish isn't free, others are too small", x, 1, HOLDS, 0);
+        CHECK.causes("no stand", x, 1, STAND, 4);
         x.stand(3);
         x.run(1);
         CHECK.due("one that fits, though it wishes another", x.visitTold(1, 3), 3);
@@ -706,11 +687,11 @@ public final class TickEdgeTest {
         x.run(1);
         CHECK.due("the greatest prio on runway 0", x.runwayTold(0, 1), 4);
         CHECK.due("the next one on runway 1", x.runwayTold(1, 1), 2);
-        tells("the third holds", x, 0, HOLDS, 0);
+        CHECK.tells("the third holds", x, 0, HOLDS, 0);
         x.run(1);
-        tells("a tick ahead of the end", x, 0, HOLDS, 0);
+        CHECK.tells("a tick ahead of the end", x, 0, HOLDS, 0);
         x.run(1);
-        tells("at the end", x, 0, LANDS, 2);
+        CHECK.tells("at the end", x, 0, LANDS, 2);
         CHECK.due("on runway 0", x.runwayTold(0, 0), 4);
         CHECK.due("not on runway 1", x.runwayTold(1, 0), 2);
         WingPort y = twoRunways(1, 1, 1);
@@ -723,7 +704,7 @@ public final class TickEdgeTest {
         z.visit(0, 0, 300, 999);
         z.visit(0, 0, 300, 999);
         z.run(1);
-        tells("just one runway", z, 1, HOLDS, 0);
+        CHECK.tells("just one runway", z, 1, HOLDS, 0);
     }
 
     /** ENDS and, if it has a PREV, what sep says more: a large one doesn't wrap. */
@@ -733,16 +714,16 @@ public final class TickEdgeTest {
         x.visit(0, 0, 300, 999);
         x.visit(0, 0, 300, 999);
         Ports.runTill(x, 60);
-        tells("the first lands, as there is no PREV", x, 0, STANDS, 6);
-        tells("the other never", x, 1, HOLDS, 0);
+        CHECK.tells("the first lands, as there is no PREV", x, 0, STANDS, 6);
+        CHECK.tells("the other never", x, 1, HOLDS, 0);
         x.run(1);
-        tells("till it went", x, 1, WENT, 60);
+        CHECK.tells("till it went", x, 1, WENT, 60);
         WingPort y = Ports.with(1, 1, 1);
         Ports.rule(y, "prio 0; sep " + LARGEST + "+1; hold 0;");
         y.visit(0, 0, 300, 999);
         y.visit(0, 0, 300, 999);
         Ports.runTill(y, 3);
-        tells("a larger one wraps, and is 0 then", y, 1, LANDS, 2);
+        CHECK.tells("a larger one wraps, and is 0 then", y, 1, LANDS, 2);
     }
 
     private static void prioOfTheLeast() {
@@ -751,17 +732,17 @@ public final class TickEdgeTest {
         x.visit(0, 0, 300, 999);
         x.visit(2, 0, 300, 999);
         x.run(1);
-        tells("the largest int", x, 1, LANDS, 0);
-        tells("the least int", x, 0, HOLDS, 0);
+        CHECK.tells("the largest int", x, 1, LANDS, 0);
+        CHECK.tells("the least int", x, 0, HOLDS, 0);
         x.run(2);
-        tells("the least int, alone", x, 0, LANDS, 2);
+        CHECK.tells("the least int, alone", x, 0, LANDS, 2);
         WingPort y = Ports.with(1, 1, 1);
         Ports.rule(y, "prio " + LARGEST + "-kind; sep 0; hold 0;");
         y.visit(2, 0, 300, 999);
         y.visit(0, 0, 300, 999);
         y.run(1);
-        tells("the largest int itself", y, 1, LANDS, 0);
-        tells("two less", y, 0, HOLDS, 0);
+        CHECK.tells("the largest int itself", y, 1, LANDS, 0);
+        CHECK.tells("two less", y, 0, HOLDS, 0);
     }
 
     /** prio is asked for with the PREV of the runway that is given, not of the other one. */
@@ -776,11 +757,11 @@ public final class TickEdgeTest {
         x.visit(0, 2, 300, 999);
         x.run(4);
         CHECK.due("a PLANE behind a PLANE on runway 0", x.runwayTold(0, 0), 4);
-        tells("a JET behind the WIDE", x, 3, LANDS, 3);
+        CHECK.tells("a JET behind the WIDE", x, 3, LANDS, 3);
         CHECK.due("on runway 1", x.runwayTold(1, 1), 1);
-        tells("though the PROP's number is less", x, 2, HOLDS, 3);
+        CHECK.tells("though the PROP's number is less", x, 2, HOLDS, 3);
         x.run(1);
-        tells("then the PROP", x, 2, LANDS, 4);
+        CHECK.tells("then the PROP", x, 2, LANDS, 4);
     }
 
     /** What sep says is asked for just if there is a PREV, of this runway, and below 0 it is 0. */
@@ -792,11 +773,11 @@ public final class TickEdgeTest {
         x.visit(0, 1, 300, 999);
         x.visit(0, 2, 300, 999);
         Ports.runTill(x, 3);
-        tells("no PREV on runway 0", x, 0, ROLLS, 2);
-        tells("no PREV on runway 1", x, 1, LANDS, 1);
-        tells("50 behind a PREV", x, 2, HOLDS, 2);
+        CHECK.tells("no PREV on runway 0", x, 0, ROLLS, 2);
+        CHECK.tells("no PREV on runway 1", x, 1, LANDS, 1);
+        CHECK.tells("50 behind a PREV", x, 2, HOLDS, 2);
         x.run(1);
-        tells("-50 is 0", x, 2, LANDS, 3);
+        CHECK.tells("-50 is 0", x, 2, LANDS, 3);
         CHECK.due("runway 0", x.runwayTold(0, 0), 5);
     }
 
@@ -812,10 +793,10 @@ public final class TickEdgeTest {
             x.visit(0, 1, 300, 999);
             x.run(3);
             CHECK.due("the WIDE on runway " + wide, x.runwayTold(wide, 1), 3);
-            tells("one on the other runway", x, 2, LANDS, 2);
+            CHECK.tells("one on the other runway", x, 2, LANDS, 2);
             CHECK.due("it ends there", x.runwayTold(1 - wide, 0), 4);
             x.run(2);
-            tells("the next one, too", x, 3, LANDS, 4);
+            CHECK.tells("the next one, too", x, 3, LANDS, 4);
             CHECK.due("behind a PLANE", x.runwayTold(1 - wide, 0), 6);
             x.visit(0, 22, 300, 999);
             x.visit(0, 23, 300, 999);
@@ -837,19 +818,19 @@ public final class TickEdgeTest {
         x.visit(0, 20, 300, 999);
         x.visit(0, 46, 300, 999);
         Ports.runTill(x, 32);
-        tells("a PROP landed till 2", x, 1, HOLDS, 20);
+        CHECK.tells("a PROP landed till 2", x, 1, HOLDS, 20);
         x.run(1);
-        tells("30 behind it", x, 1, LANDS, 32);
+        CHECK.tells("30 behind it", x, 1, LANDS, 32);
         Ports.runTill(x, 44);
         CHECK.due("PREV is a PLANE", x.runwayTold(0, 1), 0);
         x.run(1);
-        tells("the PROP leaves", x, 0, LEAVES, 44);
+        CHECK.tells("the PROP leaves", x, 0, LEAVES, 44);
         CHECK.due("PREV is a PROP again", x.runwayTold(0, 1), 2);
         CHECK.due("till", x.runwayTold(0, 0), 46);
         Ports.runTill(x, 76);
-        tells("29 behind it", x, 2, HOLDS, 46);
+        CHECK.tells("29 behind it", x, 2, HOLDS, 46);
         x.run(1);
-        tells("30 behind it again", x, 2, LANDS, 76);
+        CHECK.tells("30 behind it again", x, 2, LANDS, 76);
     }
 
     /** (3) is ahead of (6): what has come in this tick isn't waited for any more. */
@@ -865,8 +846,8 @@ public final class TickEdgeTest {
             Ports.runTill(x, 45);
             int first = cart <= 30 ? 1 : 2;
             CHECK.due("there at " + (14 + cart), x.feedTold(0, 3), cart <= 30 ? 2 : 1);
-            tells("the first, cart " + cart, x, first, LANDS, 44);
-            tells("the other, cart " + cart, x, 3 - first, HOLDS, 44);
+            CHECK.tells("the first, cart " + cart, x, first, LANDS, 44);
+            CHECK.tells("the other, cart " + cart, x, 3 - first, HOLDS, 44);
         }
     }
 
@@ -882,17 +863,17 @@ public final class TickEdgeTest {
             x.visit(0, 0, 40, 999);
             x.visit(0, 44, 300, 999);
             Ports.runTill(x, 52);
-            tells(what + ": it waits", x, 0, WAITS, 40);
-            causes(what, x, 0, WORK, 4, row[2], 8);
+            CHECK.tells(what + ": it waits", x, 0, WAITS, 40);
+            CHECK.causes(what, x, 0, WORK, 4, row[2], 8);
             x.run(1);
-            tells(what + ": it leaves", x, 0, LEAVES, 52);
+            CHECK.tells(what + ": it leaves", x, 0, LEAVES, 52);
         }
         WingPort y = Ports.with(1, 1, 1);
         y.set(8, 2);
         y.visit(0, 0, 40, 999);
         y.visit(0, 44, 300, 999);
         Ports.runTill(y, 45);
-        tells("two runways and no FOG", y, 0, LEAVES, 44);
+        CHECK.tells("two runways and no FOG", y, 0, LEAVES, 44);
         CHECK.due("on runway 1", y.runwayTold(1, 0), 46);
     }
 
@@ -909,8 +890,8 @@ public final class TickEdgeTest {
                 x.set(5, tick % 2);
                 x.run(1);
             }
-            tells("ahead of the end of sep", x, 2, HOLDS, 0);
-            causes("runways " + runways, x, 2, FOG, runways == 2 ? 11 : 0, RUNWAY, runways == 2 ? 10 : 21);
+            CHECK.tells("ahead of the end of sep", x, 2, HOLDS, 0);
+            CHECK.causes("runways " + runways, x, 2, FOG, runways == 2 ? 11 : 0, RUNWAY, runways == 2 ? 10 : 21);
         }
     }
 
@@ -921,17 +902,17 @@ public final class TickEdgeTest {
         x.visit(0, 0, 7, 999);
         Ports.runTill(x, 19);
         CHECK.due("FUEL is under way, FOOD is wanted", x.visitTold(0, 8), 8);
-        causes("FUEL is the least", x, 0, WORK, 12);
+        CHECK.causes("FUEL is the least", x, 0, WORK, 12);
         x.run(1);
-        causes("FOOD is the least", x, 0, WORK, 12, WANT, 1);
+        CHECK.causes("FOOD is the least", x, 0, WORK, 12, WANT, 1);
         WingPort y = Ports.with(1, 1);
         y.set(1, 0);
         y.visit(0, 0, 15, 999);
         Ports.runTill(y, 18);
-        causes("CLEAN is the least", y, 0, WORK, 3);
+        CHECK.causes("CLEAN is the least", y, 0, WORK, 3);
         y.run(4);
         CHECK.due("FOOD is under way, FUEL is wanted", y.visitTold(0, 8), 16);
-        causes("FUEL is the least, though FOOD is under way", y, 0, WORK, 3, WANT, 4);
+        CHECK.causes("FUEL is the least, though FOOD is under way", y, 0, WORK, 3, WANT, 4);
     }
 
     /** VISITS of STATE 0 .. 5, t not below ETD. */
@@ -940,27 +921,27 @@ public final class TickEdgeTest {
         x.visit(0, 0, 29, 999);
         x.visit(0, 60, 61, 999);
         Ports.runTill(x, 29);
-        causes("ahead of ETD", x, 0);
+        CHECK.causes("ahead of ETD", x, 0);
         x.run(1);
-        causes("at ETD", x, 0, WORK, 1);
+        CHECK.causes("at ETD", x, 0, WORK, 1);
         Ports.runTill(x, 37);
-        causes("till it leaves", x, 0, WORK, 8);
-        tells("waits", x, 0, WAITS, 33);
+        CHECK.causes("till it leaves", x, 0, WORK, 8);
+        CHECK.tells("waits", x, 0, WAITS, 33);
         x.run(1);
-        tells("leaves", x, 0, LEAVES, 37);
-        causes("not as it leaves", x, 0, WORK, 8);
+        CHECK.tells("leaves", x, 0, LEAVES, 37);
+        CHECK.causes("not as it leaves", x, 0, WORK, 8);
         Ports.runTill(x, 63);
-        tells("lands, though late", x, 1, ROLLS, 62);
-        causes("lands, rolls", x, 1, ARRIVAL, 2);
+        CHECK.tells("lands, though late", x, 1, ROLLS, 62);
+        CHECK.causes("lands, rolls", x, 1, ARRIVAL, 2);
         Ports.runTill(x, 67);
-        causes("stands", x, 1, ARRIVAL, 5, WORK, 1);
+        CHECK.causes("stands", x, 1, ARRIVAL, 5, WORK, 1);
         WingPort y = new WingPort();
         y.visit(0, 5, 9, 999);
         y.late(0, 10);
         Ports.runTill(y, 9);
-        causes("due ahead of ETD", y, 0);
+        CHECK.causes("due ahead of ETD", y, 0);
         y.run(1);
-        causes("due at ETD", y, 0, ARRIVAL, 1);
+        CHECK.causes("due at ETD", y, 0, ARRIVAL, 1);
     }
 
     private static void lateNoMore() {
@@ -968,8 +949,8 @@ public final class TickEdgeTest {
         x.visit(1, 0, 59, 999);
         x.visit(1, 0, 60, 999);
         Ports.runTill(x, 100);
-        causes("the last tick in which it holds", x, 0, STAND, 1);
-        causes("none as it went", x, 1);
+        CHECK.causes("the last tick in which it holds", x, 0, STAND, 1);
+        CHECK.causes("none as it went", x, 1);
         CHECK.due("late ticks of all", x.count(8), 1);
     }
 
@@ -979,9 +960,9 @@ public final class TickEdgeTest {
         x.visit(0, 9997, 9998, 9);
         x.visit(0, 9998, 9999, 9);
         Ports.runTill(x, 9999);
-        causes("tick 9998 was the last", x, 0, STAND, 1);
-        causes("tick 9999 does not come", x, 1);
-        tells("comes in the last tick", x, 1, HOLDS, 9998);
+        CHECK.causes("tick 9998 was the last", x, 0, STAND, 1);
+        CHECK.causes("tick 9999 does not come", x, 1);
+        CHECK.tells("comes in the last tick", x, 1, HOLDS, 9998);
         CHECK.due("no visit at TICK 9999", x.visit(0, 9999, 10000, 9), WingPort.BAD);
         CHECK.due("nor with an etd that isn't behind it", x.visit(0, 9999, 9999, 9), WingPort.BAD);
         CHECK.due("nor a tick", x.run(1), WingPort.FULL);

@@ -35,25 +35,6 @@ public final class TickTest {
         CHECK.end();
     }
 
-    private static void tells(String what, WingPort x, int v, int state, int since) {
-        CHECK.due(what + ": state", x.visitTold(v, 1), state);
-        CHECK.due(what + ": since", x.visitTold(v, 2), since);
-    }
-
-    /** The late ticks of a visit are these by causes, and no others. */
-    private static void causes(String what, WingPort x, int v, int... pairs) {
-        int[] due = new int[9];
-        int all = 0;
-        for (int i = 0; i < pairs.length; i += 2) {
-            due[pairs[i]] = pairs[i + 1];
-            all += pairs[i + 1];
-        }
-        for (int c = 0; c < 9; c++) {
-            CHECK.due(what + ": cause(" + v + ", " + c + ")", x.cause(v, c), due[c]);
-        }
-        CHECK.due(what + ": late ticks of " + v, x.visitTold(v, 7), all);
-    }
-
     private static void bounds() {
         WingPort x = new WingPort();
         CHECK.due("run(0)", x.run(0), WingPort.BAD);
@@ -73,37 +54,37 @@ public final class TickTest {
         WingPort x = Ports.with(1, 1);
         x.visit(0, 3, 100, 999);
         Ports.runTill(x, 3);
-        tells("not come", x, 0, 0, 0);
+        CHECK.tells("not come", x, 0, 0, 0);
         x.run(1);
-        tells("lands as it comes", x, 0, 2, 3);
+        CHECK.tells("lands as it comes", x, 0, 2, 3);
         x.run(1);
-        tells("lands still", x, 0, 2, 3);
+        CHECK.tells("lands still", x, 0, 2, 3);
         x.run(1);
-        tells("rolls", x, 0, 3, 5);
+        CHECK.tells("rolls", x, 0, 3, 5);
         Ports.runTill(x, 9);
-        tells("rolls still", x, 0, 3, 5);
+        CHECK.tells("rolls still", x, 0, 3, 5);
         x.run(1);
-        tells("stands", x, 0, 4, 9);
+        CHECK.tells("stands", x, 0, 4, 9);
         Ports.runTill(x, 100);
-        tells("stands still", x, 0, 4, 9);
+        CHECK.tells("stands still", x, 0, 4, 9);
         CHECK.due("all but the push", x.visitTold(0, 6), 127);
         CHECK.due("the push is under way", x.visitTold(0, 8), 128);
         x.run(1);
-        tells("waits", x, 0, 5, 100);
+        CHECK.tells("waits", x, 0, 5, 100);
         CHECK.due("all acts", x.visitTold(0, 6), 255);
         CHECK.due("has no stand", x.visitTold(0, 3), -1);
         Ports.runTill(x, 104);
-        tells("waits still", x, 0, 5, 100);
+        CHECK.tells("waits still", x, 0, 5, 100);
         x.run(1);
-        tells("leaves", x, 0, 6, 104);
+        CHECK.tells("leaves", x, 0, 6, 104);
         CHECK.due("the runway ends", x.runwayTold(0, 0), 106);
         x.run(1);
-        tells("leaves still", x, 0, 6, 104);
+        CHECK.tells("leaves still", x, 0, 6, 104);
         x.run(1);
-        tells("gone", x, 0, 7, 106);
-        causes("whole", x, 0, WORK, 4);
+        CHECK.tells("gone", x, 0, 7, 106);
+        CHECK.causes("whole", x, 0, WORK, 4);
         x.run(50);
-        causes("gone", x, 0, WORK, 4);
+        CHECK.causes("gone", x, 0, WORK, 4);
         CHECK.due("late ticks of all", x.count(8), 4);
     }
 
@@ -139,13 +120,13 @@ public final class TickTest {
         WingPort x = Ports.with(1, 1);
         x.visit(1, 0, 10, 999);
         Ports.runTill(x, 60);
-        tells("holds", x, 0, 1, 0);
+        CHECK.tells("holds", x, 0, 1, 0);
         x.run(1);
-        tells("went", x, 0, 8, 60);
-        causes("went", x, 0, STAND, 50);
+        CHECK.tells("went", x, 0, 8, 60);
+        CHECK.causes("went", x, 0, STAND, 50);
         x.stand(2);
         x.run(20);
-        tells("went for ever", x, 0, 8, 60);
+        CHECK.tells("went for ever", x, 0, 8, 60);
         CHECK.due("WENT", x.beside(1, 2), 1);
     }
 
@@ -162,7 +143,7 @@ public final class TickTest {
         }
         x.visit(0, 30, 100, 999);
         x.run(1);
-        tells("none is free", x, 5, 1, 30);
+        CHECK.tells("none is free", x, 5, 1, 30);
     }
 
     private static void wishedStand() {
@@ -182,26 +163,26 @@ public final class TickTest {
         x.visit(0, 0, 100, 999);
         x.visit(0, 1, 100, 999);
         x.run(1);
-        tells("the one that came", x, 1, 2, 0);
+        CHECK.tells("the one that came", x, 1, 2, 0);
         Ports.runTill(x, 4);
-        tells("the runway has ended, but sep is 2", x, 0, 1, 1);
+        CHECK.tells("the runway has ended, but sep is 2", x, 0, 1, 1);
         x.run(1);
-        tells("of like ones the least", x, 0, 2, 4);
-        tells("the other holds", x, 2, 1, 1);
+        CHECK.tells("of like ones the least", x, 0, 2, 4);
+        CHECK.tells("the other holds", x, 2, 1, 1);
         WingPort y = Ports.with(2, 1, 1);
         Ports.rule(y, "prio kind; sep 0; hold 0;");
         y.visit(0, 0, 100, 999);
         y.visit(2, 0, 100, 999);
         y.run(1);
-        tells("the greatest prio", y, 1, 2, 0);
+        CHECK.tells("the greatest prio", y, 1, 2, 0);
         y.run(2);
-        tells("the other one as the runway ends", y, 0, 2, 2);
+        CHECK.tells("the other one as the runway ends", y, 0, 2, 2);
         WingPort z = Ports.with(2, 1, 1);
         Ports.rule(z, "prio -kind; sep 0; hold 0;");
         z.visit(4, 0, 100, 999);
         z.visit(2, 0, 100, 999);
         z.run(1);
-        tells("the greatest of those below 0", z, 1, 2, 0);
+        CHECK.tells("the greatest of those below 0", z, 1, 2, 0);
     }
 
     private static void apartByRule() {
@@ -214,17 +195,17 @@ public final class TickTest {
         x.run(1);
         CHECK.due("two runways at once", x.runwayTold(1, 1), 3);
         Ports.runTill(x, 5);
-        tells("behind a WIDE by 2", x, 2, 1, 1);
+        CHECK.tells("behind a WIDE by 2", x, 2, 1, 1);
         x.run(1);
-        tells("then", x, 2, 2, 5);
+        CHECK.tells("then", x, 2, 2, 5);
         CHECK.due("on runway 0", x.runwayTold(0, 0), 7);
         CHECK.due("not on runway 1", x.runwayTold(1, 0), 3);
         x.visit(0, 7, 100, 999);
         x.run(2);
-        tells("no stand", x, 3, 1, 7);
+        CHECK.tells("no stand", x, 3, 1, 7);
         x.stand(1);
         x.run(1);
-        tells("sep below 0 is 0", x, 3, 2, 8);
+        CHECK.tells("sep below 0 is 0", x, 3, 2, 8);
     }
 
     private static void fog() {
@@ -234,17 +215,17 @@ public final class TickTest {
         x.visit(0, 0, 3, 999);
         x.visit(0, 0, 3, 999);
         x.run(8);
-        tells("fog: sep is 6", x, 1, 1, 0);
+        CHECK.tells("fog: sep is 6", x, 1, 1, 0);
         CHECK.due("runway 1 is shut", x.runwayTold(1, 1), -1);
         x.run(1);
-        tells("behind 6 ticks", x, 1, 2, 8);
-        causes("fog", x, 1, FOG, 5, ARRIVAL, 1);
+        CHECK.tells("behind 6 ticks", x, 1, 2, 8);
+        CHECK.causes("fog", x, 1, FOG, 5, ARRIVAL, 1);
         WingPort y = Ports.with(2, 1, 1, 1);
         y.set(5, 1);
         y.visit(0, 0, 3, 999);
         y.visit(0, 0, 3, 999);
         y.run(8);
-        causes("fog on one runway", y, 1, RUNWAY, 5);
+        CHECK.causes("fog on one runway", y, 1, RUNWAY, 5);
         WingPort z = Ports.with(2, 1, 1, 1);
         z.set(8, 2);
         z.set(5, 1);
@@ -253,7 +234,7 @@ public final class TickTest {
         z.run(2);
         z.set(5, 0);
         z.run(1);
-        tells("out of the fog", z, 1, 2, 2);
+        CHECK.tells("out of the fog", z, 1, 2, 2);
         CHECK.due("on runway 1", z.runwayTold(1, 0), 4);
     }
 
@@ -262,12 +243,12 @@ public final class TickTest {
         x.set(0, 0);
         x.visit(0, 0, 3, 999);
         x.run(20);
-        causes("no stairs", x, 0, ARRIVAL, 3, WANT, 14);
+        CHECK.causes("no stairs", x, 0, ARRIVAL, 3, WANT, 14);
         x.set(0, 1);
         x.set(1, 0);
         Ports.runTill(x, 40);
         CHECK.due("cleaned and fed, not fuelled", x.visitTold(0, 6), 1 + 2 + 4 + 16);
-        causes("work is ahead of want while CLEAN is the least", x, 0, ARRIVAL, 3, WANT, 14 + 8, WORK, 8 + 4);
+        CHECK.causes("work is ahead of want while CLEAN is the least", x, 0, ARRIVAL, 3, WANT, 14 + 8, WORK, 8 + 4);
     }
 
     private static void truckOfTheLeast() {
@@ -279,10 +260,10 @@ public final class TickTest {
         CHECK.due("the first has the stairs", x.visitTold(0, 8), 1);
         CHECK.due("the other waits", x.visitTold(1, 8), 0);
         x.run(1);
-        causes("wants", x, 1, WANT, 1);
+        CHECK.causes("wants", x, 1, WANT, 1);
         x.run(1);
         CHECK.due("the stairs go over in the tick that frees them", x.visitTold(1, 8), 1);
-        causes("works", x, 1, WANT, 1, WORK, 1);
+        CHECK.causes("works", x, 1, WANT, 1, WORK, 1);
     }
 
     private static void bagsAreWaitedFor() {
@@ -296,10 +277,10 @@ public final class TickTest {
         CHECK.due("the other waits for bags", x.visitTold(1, 8), 0);
         Ports.runTill(x, 30);
         CHECK.due("till its etd", x.visitTold(1, 8), 0);
-        causes("waits in time", x, 1);
+        CHECK.causes("waits in time", x, 1);
         x.run(1);
         CHECK.due("no longer", x.visitTold(1, 8), 32);
-        causes("work", x, 1, WORK, 1);
+        CHECK.causes("work", x, 1, WORK, 1);
         Ports.runTill(x, 35);
         CHECK.due("there while it is loaded", x.feedTold(0, 3), 2);
         WingPort y = Ports.with(2, 1, 1);
@@ -321,10 +302,10 @@ public final class TickTest {
         x.feed(0, 1, 6, 21);
         Ports.runTill(x, 30);
         CHECK.due("held", x.visitTold(1, 8), 0);
-        causes("held", x, 1, BAGS, 6);
+        CHECK.causes("held", x, 1, BAGS, 6);
         x.run(1);
         CHECK.due("held no longer", x.visitTold(1, 8), 32);
-        causes("works", x, 1, BAGS, 6, WORK, 1);
+        CHECK.causes("works", x, 1, BAGS, 6, WORK, 1);
         WingPort y = Ports.with(2, 1, 1);
         y.set(8, 2);
         Ports.rule(y, "prio 0; sep 0; hold -9;");
@@ -385,15 +366,15 @@ public final class TickTest {
         x.set(3, 0);
         x.visit(0, 0, 20, 32);
         Ports.runTill(x, 34);
-        causes("no tug", x, 0, WORK, 10, WANT, 4);
+        CHECK.causes("no tug", x, 0, WORK, 10, WANT, 4);
         x.set(3, 1);
         x.run(1);
-        causes("nor a crew", x, 0, WORK, 10, WANT, 4, CREW, 1);
+        CHECK.causes("nor a crew", x, 0, WORK, 10, WANT, 4, CREW, 1);
         x.set(7, 2);
         x.run(1);
         CHECK.due("pushed", x.visitTold(0, 8), 128);
         CHECK.due("a crew is taken", x.count(10), 1);
-        causes("work", x, 0, WORK, 11, WANT, 4, CREW, 1);
+        CHECK.causes("work", x, 0, WORK, 11, WANT, 4, CREW, 1);
         WingPort y = Ports.with(1, 1);
         y.set(7, 1);
         y.visit(0, 0, 20, 30);
@@ -442,14 +423,14 @@ public final class TickTest {
         Ports.runTill(x, 37);
         CHECK.due("iced", x.visitTold(0, 6), 127);
         Ports.runTill(x, 77);
-        tells("40 ticks ago is not too long", x, 0, 6, 76);
-        causes("iced", x, 0, WORK, 4);
+        CHECK.tells("40 ticks ago is not too long", x, 0, 6, 76);
+        CHECK.causes("iced", x, 0, WORK, 4);
         WingPort y = Ports.with(1, 1);
         y.set(6, 1);
         y.set(4, 0);
         y.visit(0, 0, 20, 999);
         Ports.runTill(y, 34);
-        causes("no icer", y, 0, WORK, 10, WANT, 4);
+        CHECK.causes("no icer", y, 0, WORK, 10, WANT, 4);
         y.set(6, 0);
         y.run(1);
         CHECK.due("not cold any more", y.visitTold(0, 8), 128);
@@ -473,12 +454,12 @@ public final class TickTest {
         CHECK.due("nothing says that it isn't DONE any more", x.visitTold(0, 6), 255);
         CHECK.due("the icer is busy", x.trucks(4, 1), 1);
         Ports.runTill(x, 83);
-        tells("waits", x, 0, 5, 76);
+        CHECK.tells("waits", x, 0, 5, 76);
         x.run(1);
-        tells("leaves as it is iced", x, 0, 6, 83);
+        CHECK.tells("leaves as it is iced", x, 0, 6, 83);
         CHECK.due("the icer is free", x.trucks(4, 1), 0);
         CHECK.due("all is done", x.visitTold(0, 6), 255);
-        causes("iced again", x, 0, WORK, 1, ICE, 6);
+        CHECK.causes("iced again", x, 0, WORK, 1, ICE, 6);
     }
 
     private static void icedLongAgo() {
@@ -488,8 +469,8 @@ public final class TickTest {
         Ports.runTill(x, 101);
         CHECK.due("in the tick in which it is pushed", x.visitTold(0, 8), 64);
         Ports.runTill(x, 107);
-        tells("leaves", x, 0, 6, 106);
-        causes("long ago", x, 0, ICE, 6);
+        CHECK.tells("leaves", x, 0, 6, 106);
+        CHECK.causes("long ago", x, 0, ICE, 6);
     }
 
     private static void icerIsBusy() {
@@ -506,38 +487,38 @@ public final class TickTest {
         Ports.runTill(x, 107);
         CHECK.due("then it is", x.visitTold(1, 8), 64);
         Ports.runTill(x, 113);
-        causes("the other", x, 1, ICE, 12);
-        tells("leaves", x, 1, 6, 112);
+        CHECK.causes("the other", x, 1, ICE, 12);
+        CHECK.tells("leaves", x, 1, 6, 112);
     }
 
     private static void coldComesLater() {
         WingPort x = Ports.with(1, 1);
         x.visit(0, 0, 50, 999);
         Ports.runTill(x, 52);
-        tells("waits", x, 0, 5, 50);
+        CHECK.tells("waits", x, 0, 5, 50);
         x.set(6, 1);
         x.set(4, 0);
         x.run(10);
-        tells("not iced, so it waits", x, 0, 5, 50);
-        causes("needs ice", x, 0, WORK, 2, ICE, 10);
+        CHECK.tells("not iced, so it waits", x, 0, 5, 50);
+        CHECK.causes("needs ice", x, 0, WORK, 2, ICE, 10);
         x.set(6, 0);
         x.run(1);
-        tells("not cold", x, 0, 6, 62);
+        CHECK.tells("not cold", x, 0, 6, 62);
         WingPort y = Ports.with(2, 1, 1);
         y.visit(0, 0, 40, 999);
         y.visit(0, 44, 140, 999);
         Ports.rule(y, "prio in * 100 + wait; sep 3; hold 0;");
         Ports.runTill(y, 50);
-        tells("the one that lands goes ahead", y, 1, 3, 46);
-        tells("the other behind it", y, 0, 6, 49);
-        causes("runway", y, 0, WORK, 4, RUNWAY, 5);
+        CHECK.tells("the one that lands goes ahead", y, 1, 3, 46);
+        CHECK.tells("the other behind it", y, 0, 6, 49);
+        CHECK.causes("runway", y, 0, WORK, 4, RUNWAY, 5);
     }
 
     private static void coldComesSoon() {
         WingPort x = Ports.with(1, 1);
         x.visit(0, 0, 10, 999);
         Ports.runTill(x, 35);
-        tells("waits", x, 0, 5, 33);
+        CHECK.tells("waits", x, 0, 5, 33);
         x.set(6, 1);
         x.run(1);
         CHECK.due("done at once, so it wasn't iced", x.visitTold(0, 8), 64);
@@ -549,7 +530,7 @@ public final class TickTest {
         x.visit(0, 0, 200, 999);
         x.visit(1, 0, 2, 999);
         x.run(7);
-        causes("stand 0 is free", x, 1, RUNWAY, 5);
+        CHECK.causes("stand 0 is free", x, 1, RUNWAY, 5);
     }
 
     /** What hold says of the one that waits, not of another. */
